@@ -21,8 +21,8 @@ public final class AlgolHouse {
     private static final int NODES_MOST = TEXT_MOST + 4;
     /* A mode takes two bytes of text at least; with the plain ones they stay below this. */
     private static final int MODES_MOST = 256;
-    /* UNIONS have the members of those in them: some sixty members in some twenty-four UNIONS at most. */
-    private static final int PARTS_MOST = 2048;
+    /* UNIONS have the members of those in them: some fifty members in some twenty UNIONS at most. */
+    private static final int PARTS_MOST = 1536;
     private static final int LIST_MOST = 128;
 
     private static final int FAULT_SYNTAX = 1;
@@ -131,7 +131,9 @@ public final class AlgolHouse {
     private static final int T_ATLEAST = 26;
     private static final int T_BECOMES = 27;
     /* KEPT words, as they stand here, one blank behind each. */
-    private static final String KEPT = "MODE PRIO OP LOC HEAP SKIP IS ISNT NIL LWB UPB OF LONG TRUE FALSE BEGIN END IF THEN ELSE FI CASE IN OUT ESAC WHEN FOR FROM BY TO WHILE DO OD PRINT INT BOOL VOID REF PROC STRUCT UNION ";
+    private static final String KEPT = "MODE PRIO OP LOC HEAP SKIP IS ISNT NIL LWB UPB OF LONG TRUE FALSE BEGIN END ";
+    private static final String KEPT_TOO =
+            "IF THEN ELSE FI CASE IN OUT ESAC WHEN FOR FROM BY TO WHILE DO OD PRINT INT BOOL VOID REF PROC STRUCT UNION ";
     private static final int KEPT_COUNT = 41;
     private static final int T_KEPT = 30;
     private static final int T_MODE = 30;
@@ -228,6 +230,8 @@ public final class AlgolHouse {
     private static final int P_CALLED = 3;
     private static final int P_COERCE = 4;
     private static final int P_STEPPED = 5;
+    private static final int P_FINISH = 6;
+    private static final int P_USE = 7;
 
     private final Tokens tokens = new Tokens();
     private final Reader reader = new Reader(tokens);
@@ -245,13 +249,8 @@ public final class AlgolHouse {
     private int keptCount;
 
     public AlgolHouse() {
-        for (int i = 0; i < PROGRAMS_MOST; i++) {
-            held[i] = new Program();
-        }
-        for (int i = 0; i <= OUTCOMES_MOST; i++) {
-            kept[i] = new Tale();
-            gathered[i] = new Tale();
-        }
+        count = 0;
+        keptCount = 0;
     }
 
     public int type(long eight) {
@@ -271,14 +270,22 @@ public final class AlgolHouse {
 
     public int read() throws IllegalStateException {
         checkRoom();
-        Program to = held[count];
+        Program to = roomForProgram();
         tokens.split();
         tokens.length = 0;
-        if (!parsed(to) || !modesHold(to) || !judged(to)) {
-            return -1;
+        judge.fault = 0;
+        boolean good = false;
+        try {
+            reader.readAll(to);
+            good = modesHold(to);
+            if (good) {
+                judge.judge(to);
+            }
+        } catch (IllegalStateException refused) {
+            good = judge.fault != 0 ? blame(judge.fault, judge.faultAt) : blame(reader.fault, reader.faultAt);
         }
-        count++;
-        return count - 1;
+        count += good ? 1 : 0;
+        return good ? count - 1 : -1;
     }
 
     private void checkRoom() {
@@ -287,19 +294,18 @@ public final class AlgolHouse {
         }
     }
 
+    /* Rooms for programs are made when they are needed first, and kept. */
+    private Program roomForProgram() {
+        if (held[count] == null) {
+            held[count] = new Program();
+        }
+        return held[count];
+    }
+
     private boolean blame(int what, int place) {
         latestFault = what;
         latestFaultAt = place;
         return false;
-    }
-
-    private boolean parsed(Program to) {
-        try {
-            reader.readAll(to);
-        } catch (IllegalStateException refused) {
-            return blame(reader.fault, reader.faultAt);
-        }
-        return true;
     }
 
     /* What is wrong of the text's modes, ahead of its nodes. */
@@ -326,15 +332,6 @@ public final class AlgolHouse {
         }
         for (int i = 0; i < to.listCount; i++) {
             to.listMode[i] = unfolder.numberOf(to.listMode[i]);
-        }
-        return true;
-    }
-
-    private boolean judged(Program to) {
-        try {
-            judge.judge(to);
-        } catch (IllegalStateException refused) {
-            return blame(judge.fault, judge.faultAt);
         }
         return true;
     }
@@ -472,23 +469,32 @@ public final class AlgolHouse {
         }
         int found = 0;
         machine.draws.startAll(most);
-        boolean another = true;
-        for (int n = 1; another; n++) {
-            if (n > most) {
-                return -1;
-            }
-            machine.perform(of, steps, gathered[found]);
+        for (int n = 1; n <= most; n++) {
+            machine.perform(of, steps, roomForTale(found));
             found = countOutcome(found);
             if (machine.draws.over || found > OUTCOMES_MOST) {
                 return -1;
             }
-            another = machine.draws.advance();
+            if (!machine.draws.advance()) {
+                keep(found);
+                return found;
+            }
         }
+        return -1;
+    }
+
+    private Tale roomForTale(int i) {
+        if (gathered[i] == null) {
+            gathered[i] = new Tale();
+        }
+        return gathered[i];
+    }
+
+    private void keep(int found) {
         Tale[] before = kept;
         kept = gathered;
         gathered = before;
         keptCount = found;
-        return found;
     }
 
     /* The latest outcome of those gathered counts anew, or for the one that is like it: how many there are. */
@@ -544,17 +550,22 @@ public final class AlgolHouse {
         int namedCount;
 
         Tokens() {
-            int which = 0;
+            keep(KEPT_TOO, keep(KEPT, 0));
+        }
+
+        private int keep(String words, int from) {
+            int which = from;
             int letters = 0;
-            for (int i = 0; i < KEPT.length(); i++) {
-                if (KEPT.charAt(i) == ' ') {
+            for (int i = 0; i < words.length() && which < KEPT_COUNT; i++) {
+                if (words.charAt(i) == ' ') {
                     which++;
                     letters = 0;
-                } else if (which < KEPT_COUNT) {
-                    kept[which] |= (long) KEPT.charAt(i) << (8 * letters);
+                } else {
+                    kept[which] |= (long) words.charAt(i) << (8 * letters);
                     letters++;
                 }
             }
+            return which;
         }
 
         void split() {
@@ -766,7 +777,10 @@ public final class AlgolHouse {
         }
     }
 
-    /** A table of modes; the first four are INT, LONG, BOOL, VOID. The parts of a PROC are its parameters, then what it yields. */
+    /**
+     * A table of modes; the first four are INT, LONG, BOOL, VOID. The parts of a PROC are its parameters, then what it
+     * yields.
+     */
     private static final class Modes {
         final int[] sort;
         final int[] first;
@@ -842,15 +856,13 @@ public final class AlgolHouse {
 
         /* What REF refers to, a ROW'S elements are, a PROC yields. */
         int inner(int m) {
-            return partAt(m, count[m] - 1);
+            return count[m] > 0 ? part[first[m] + count[m] - 1] : -1;
         }
 
         /* The mode behind a CALL or FOLLOW; -1 if there is none. */
         int hop(int m) {
-            if (sort[m] == M_REF || sort[m] == M_PROC && count[m] == 1) {
-                return inner(m);
-            }
-            return -1;
+            boolean hops = sort[m] == M_REF || sort[m] == M_PROC;
+            return hops && count[m] == 1 ? part[first[m]] : -1;
         }
 
         boolean has(int union, int m) {
@@ -1102,7 +1114,7 @@ public final class AlgolHouse {
             for (int i = 0; i < definition.length; i++) {
                 definition[i] = -1;
             }
-            int root = freshSerial();
+            int root = serial(false, -1, at());
             if (look() != T_END) {
                 refuse();
             }
@@ -1114,7 +1126,7 @@ public final class AlgolHouse {
         }
 
         private int look() {
-            return sortAt(now);
+            return tokens.sort[Math.min(now, tokens.count - 1)];
         }
 
         private int current() {
@@ -1122,12 +1134,12 @@ public final class AlgolHouse {
         }
 
         private int at() {
-            return tokens.at[current()];
+            return tokens.at[Math.min(now, tokens.count - 1)];
         }
 
         private void refuse() {
             fault = FAULT_SYNTAX;
-            faultAt = at();
+            faultAt = tokens.at[Math.min(now, tokens.count - 1)];
             throw new IllegalStateException("the text has a fault");
         }
 
@@ -1225,10 +1237,6 @@ public final class AlgolHouse {
             return s;
         }
 
-        private int freshSerial() {
-            return serial(false, -1, at());
-        }
-
         /* A DECLARATION or UNIT: its node, -1 of one that has none; unitLast says which. */
         private int item() {
             int k = declaration();
@@ -1254,7 +1262,7 @@ public final class AlgolHouse {
             if ((what == T_LOC || what == T_HEAP) && sortAt(behindGenerator(now)) == T_TAG) {
                 return variable();
             }
-            if (startsDeclarer(now) && sortAt(behind(now, 0)) == T_TAG) {
+            if (startsDeclarer(now) && sortAt(behind(now, opened)) == T_TAG) {
                 return identity();
             }
             return NO_DECLARATION;
@@ -1394,7 +1402,7 @@ public final class AlgolHouse {
             }
         }
 
-        /* The token behind a DECLARER; -1 if that isn't well written: then its reading refuses it. */
+        /* The token behind a DECLARER; -1 if that isn't well written, or opens too much: then its reading refuses it. */
         private int behind(int t, int depth) {
             int i = t;
             for (int guard = 0; guard <= TEXT_MOST; guard++) {
@@ -1450,7 +1458,7 @@ public final class AlgolHouse {
         private int behindGenerator(int t) {
             int i = t + 1;
             if (sortAt(i) != T_LEFT || sortAt(i + 1) == T_RIGHT) {
-                return behind(i, 0);
+                return behind(i, opened);
             }
             int brackets = 0;
             for (; i < tokens.count; i++) {
@@ -1460,7 +1468,7 @@ public final class AlgolHouse {
                     brackets--;
                 }
                 if (brackets == 0) {
-                    return behind(i + 1, 0);
+                    return behind(i + 1, opened);
                 }
             }
             return -1;
@@ -1568,14 +1576,12 @@ public final class AlgolHouse {
 
         private int unit() {
             if (look() == T_SKIP) {
-                int k = make(SKIP);
-                now++;
-                return k;
+                return leaf(SKIP, 0);
             }
             if (startsRoutine(now)) {
                 return routine(0, UNITS_MOST);
             }
-            int left = tertiary();
+            int left = look() == T_NIL ? leaf(NIL, 0) : formula();
             int place = at();
             int what = look();
             if (what == T_BECOMES) {
@@ -1586,7 +1592,7 @@ public final class AlgolHouse {
             }
             if (what == T_IS || what == T_ISNT) {
                 enter();
-                int right = tertiary();
+                int right = look() == T_NIL ? leaf(NIL, 0) : formula();
                 opened--;
                 int k = whole(IDENTICAL, place, left, right);
                 tree.data[k] = what == T_ISNT ? 1 : 0;
@@ -1597,10 +1603,10 @@ public final class AlgolHouse {
 
         private boolean startsRoutine(int t) {
             if (sortAt(t) == T_OPEN) {
-                int b = startsDeclarer(t + 1) ? behind(t + 1, 0) : -1;
+                int b = startsDeclarer(t + 1) ? behind(t + 1, opened) : -1;
                 return sortAt(b) == T_TAG && (sortAt(b + 1) == T_COMMA || sortAt(b + 1) == T_CLOSE);
             }
-            return startsDeclarer(t) && sortAt(behind(t, 0)) == T_COLON;
+            return startsDeclarer(t) && sortAt(behind(t, opened)) == T_COLON;
         }
 
         private int routine(int least, int most) {
@@ -1656,15 +1662,6 @@ public final class AlgolHouse {
                 }
                 now++;
             }
-        }
-
-        private int tertiary() {
-            if (look() == T_NIL) {
-                int k = make(NIL);
-                now++;
-                return k;
-            }
-            return formula();
         }
 
         private int formula() {
@@ -1815,7 +1812,7 @@ public final class AlgolHouse {
                     return round();
                 case T_BEGIN: {
                     enter();
-                    int k = freshSerial();
+                    int k = serial(false, -1, at());
                     leave(T_ENDWORD);
                     return k;
                 }
@@ -1842,7 +1839,7 @@ public final class AlgolHouse {
             int k = make(CAST);
             tree.declared[k] = declarer(true);
             enterBy(T_OPEN);
-            attach(k, freshSerial());
+            attach(k, serial(false, -1, at()));
             leave(T_CLOSE);
             return k;
         }
@@ -1874,12 +1871,12 @@ public final class AlgolHouse {
         private int ifClause() {
             int k = make(IF);
             enter();
-            attach(k, freshSerial());
+            attach(k, serial(false, -1, at()));
             expect(T_THEN);
-            attach(k, freshSerial());
+            attach(k, serial(false, -1, at()));
             if (look() == T_ELSE) {
                 now++;
-                attach(k, freshSerial());
+                attach(k, serial(false, -1, at()));
             }
             leave(T_FI);
             return k;
@@ -1888,7 +1885,7 @@ public final class AlgolHouse {
         private int caseClause() {
             int k = make(CASE);
             enter();
-            attach(k, freshSerial());
+            attach(k, serial(false, -1, at()));
             if (look() == T_WHEN) {
                 now++;
                 tree.kind[k] = WHEN;
@@ -1901,7 +1898,7 @@ public final class AlgolHouse {
             }
             if (look() == T_OUT) {
                 now++;
-                attach(k, freshSerial());
+                attach(k, serial(false, -1, at()));
             }
             leave(T_ESAC);
             return k;
@@ -1950,11 +1947,11 @@ public final class AlgolHouse {
             loopNumber(k, T_TO, WITH_TO);
             if (look() == T_WHILE) {
                 now++;
-                attach(k, freshSerial());
+                attach(k, serial(false, -1, at()));
                 tree.data[k] |= WITH_WHILE;
             }
             expect(T_DO);
-            attach(k, freshSerial());
+            attach(k, serial(false, -1, at()));
             leave(T_OD);
             return k;
         }
@@ -2792,7 +2789,8 @@ public final class AlgolHouse {
 
         void push(int what, long value) {
             if (height < STACK_CELLS) {
-                set(height, what, value);
+                tag[height] = what;
+                bits[height] = value;
                 height++;
             }
         }
@@ -2802,23 +2800,17 @@ public final class AlgolHouse {
             return Math.max(height - 1, 0);
         }
 
-        /* A new object with cells for its parts. */
-        int make(int parts, int from) {
-            int o = share(OBJECT_AT + used, parts, from);
-            used = Math.min(used + parts, OBJECT_CELLS - ELEMENTS_MOST);
-            return o;
-        }
-
-        /* A new object whose parts are in cells that hold them already. */
-        int share(int cell, int parts, int from) {
+        /* A new object whose parts are in new cells, or (from a cell on) in such as hold them already. */
+        int make(int parts, int from, int shared) {
             int o = Math.min(objects, OBJECTS_MOST - 1);
-            first[o] = cell;
+            first[o] = shared >= 0 ? shared : OBJECT_AT + used;
             count[o] = parts;
             lower[o] = from;
             member[o] = -1;
             size[o] = 1;
             age[o] = 0;
             objects = o + 1;
+            used = shared >= 0 ? used : Math.min(used + parts, OBJECT_CELLS - ELEMENTS_MOST);
             return o;
         }
 
@@ -2827,12 +2819,12 @@ public final class AlgolHouse {
         }
 
         int sizeOf(int cell) {
-            return tag[cell] == OBJECT ? size[object(cell)] : 1;
+            return tag[cell] == OBJECT ? size[(int) bits[cell]] : 1;
         }
 
         int ageOf(int cell) {
             switch (tag[cell]) {
-                case OBJECT: return age[object(cell)];
+                case OBJECT: return age[(int) bits[cell]];
                 case NAME: return bits[cell] == NIL_BITS ? 0 : (int) (bits[cell] / AGE_UNIT);
                 case CODE: return (int) (bits[cell] / AGE_UNIT);
                 default: return 0;
@@ -2908,7 +2900,7 @@ public final class AlgolHouse {
                 first[made] = 0;
                 count[made] = 0;
                 lower[made] = 1;
-                memory.set(PLACE_AT + made, modes.sort[m] == M_ROW ? PLAIN : UNDEFINED, 0);
+                memory.tag[PLACE_AT + made] = modes.sort[m] == M_ROW ? PLAIN : UNDEFINED;
                 made++;
             }
             return true;
@@ -2941,21 +2933,24 @@ public final class AlgolHouse {
             }
         }
 
-        /* Whether there was room for the elements that came; if not no PLACE counts as made. */
-        boolean put(int to, int from) {
-            int begun = made;
+        /* A value in a cell, and a PLACE, from which PUT or copying begins. */
+        void line(int p, int c) {
             queued = 0;
-            enqueue(to, from);
-            for (int i = 0; i < queued; i++) {
-                if (!putOne(place[i], cell[i])) {
-                    made = begun;
-                    return false;
-                }
-            }
-            return true;
+            enqueue(p, c);
         }
 
-        private boolean putOne(int p, int c) {
+        /* Elements of a ROW'S PLACE, and the cells of a new ROW'S elements. */
+        void lineElements(int row, int from, int object) {
+            queued = 0;
+            for (int i = 0; i < memory.count[object]; i++) {
+                enqueue(first[row] + from + i, memory.first[object] + i);
+            }
+        }
+
+        /* PUTS what is in line there, its parts come into the line: whether there is room for new elements. */
+        boolean putOne(int i) {
+            int p = place[i];
+            int c = cell[i];
             int sort = modes.sort[mode[p]];
             boolean whole = memory.tag[c] == OBJECT;
             int o = whole ? memory.object(c) : 0;
@@ -2972,38 +2967,19 @@ public final class AlgolHouse {
             } else if (sort != M_STRUCT) {
                 memory.copy(PLACE_AT + p, c);
             }
-            for (int i = 0; i < count[p]; i++) {
-                enqueue(first[p] + i, whole ? memory.first[o] + i : NOTHING);
+            for (int j = 0; j < count[p]; j++) {
+                enqueue(first[p] + j, whole ? memory.first[o] + j : NOTHING);
             }
             return true;
         }
 
-        /* Copies what a PLACE has into a cell: how many PLACES were copied. */
-        int copyOut(int from, int to) {
-            queued = 0;
-            enqueue(from, to);
-            copyQueued();
-            return queued;
-        }
-
-        /* Copies elements of a ROW into a new ROW: how many PLACES were copied. */
-        int copyElements(int row, int from, int howMany, int to) {
-            int o = memory.make(howMany, 1);
-            memory.set(to, OBJECT, o);
-            queued = 0;
-            for (int i = 0; i < howMany; i++) {
-                enqueue(first[row] + from + i, memory.first[o] + i);
-            }
-            copyQueued();
-            return queued;
-        }
-
-        private void copyQueued() {
+        /* Copies what the PLACES in line have into their cells; fields and elements come into the line, too. */
+        void copyLine() {
             for (int i = 0; i < queued; i++) {
                 int p = place[i];
                 int sort = modes.sort[mode[p]];
                 if (sort == M_STRUCT || sort == M_ROW && memory.tag[PLACE_AT + p] != UNDEFINED) {
-                    int o = memory.make(count[p], lower[p]);
+                    int o = memory.make(count[p], lower[p], -1);
                     memory.set(cell[i], OBJECT, o);
                     for (int j = 0; j < count[p]; j++) {
                         enqueue(first[p] + j, memory.first[o] + j);
@@ -3195,6 +3171,8 @@ public final class AlgolHouse {
                 switch (phase[e]) {
                     case P_BEGIN: start(e); break;
                     case P_PARTS: workPart(e); break;
+                    case P_FINISH: finish(e, node[e]); break;
+                    case P_USE: finishUse(e, node[e]); break;
                     case P_CLAUSE: goOn(e); break;
                     case P_CALLED: endCall(e); break;
                     case P_COERCE: coerce(e); break;
@@ -3307,7 +3285,16 @@ public final class AlgolHouse {
             if (worked < sideBySide(k)) {
                 begin(p.kidAt(k, (int) (order[e] >>> (4 * worked)) & 15));
             } else {
-                finish(e, k);
+                phase[e] = isUse(p.kind[k]) ? P_USE : P_FINISH;
+            }
+        }
+
+        private static boolean isUse(int kind) {
+            switch (kind) {
+                case DYADIC: case MONADIC: case EDGE: case SELECTION: case CALL: case SLICE: case TRIM:
+                    return true;
+                default:
+                    return false;
             }
         }
 
@@ -3323,14 +3310,17 @@ public final class AlgolHouse {
 
         /* The node's value is known: its STEPS of coercion are next. */
         private void settle(int e, int what, long value) {
-            memory.height = base[e];
-            memory.push(what, value);
+            memory.set(base[e], what, value);
+            memory.height = base[e] + 1;
             state[e] = 0;
             phase[e] = P_COERCE;
         }
 
         private void settleCell(int e, int cell) {
-            settle(e, memory.tag[cell], memory.bits[cell]);
+            memory.copy(base[e], cell);
+            memory.height = base[e] + 1;
+            state[e] = 0;
+            phase[e] = P_COERCE;
         }
 
         private void finish(int e, int k) {
@@ -3368,17 +3358,20 @@ public final class AlgolHouse {
                 case PRINT:
                     finishPrint(e, k);
                     break;
-                case IF: case CASE: case WHEN: case LOOP:
-                    finishLead(e, k);
+                case IF: case CASE:
+                    chooseUnit(e, k);
+                    break;
+                case WHEN:
+                    chooseWhen(e, k);
+                    break;
+                case LOOP:
+                    startLoop(e, k);
                     break;
                 case GENERATOR: case VARIABLE:
                     finishGenerator(e, k);
                     break;
-                case SKIP:
-                    settle(e, UNDEFINED, 0);
-                    break;
                 default:
-                    finishUse(e, k);
+                    settle(e, UNDEFINED, 0);
                     break;
             }
         }
@@ -3436,7 +3429,7 @@ public final class AlgolHouse {
 
         private void finishDisplay(int e, int k) {
             int n = p.kids(k);
-            int o = memory.make(n, 1);
+            int o = memory.make(n, 1, -1);
             for (int i = 0; i < n; i++) {
                 memory.copy(memory.first[o] + i, worked(e, i));
             }
@@ -3496,8 +3489,13 @@ public final class AlgolHouse {
             if (memory.ageOf(value) > memory.ageOf(name)) {
                 fail(TOO_YOUNG, k);
             }
-            if (!store.put(memory.within(name), value)) {
-                fail(NO_ROOM, k);
+            int made = store.made;
+            store.line(memory.within(name), value);
+            for (int i = 0; i < store.queued; i++) {
+                if (!store.putOne(i)) {
+                    store.made = made;
+                    fail(NO_ROOM, k);
+                }
             }
         }
 
@@ -3572,21 +3570,22 @@ public final class AlgolHouse {
             if (place >= 0) {
                 trimName(e, k, place, begins, elements);
             } else {
-                int o = memory.share(memory.first[memory.object(cell)] + begins, elements, 1);
+                int o = memory.make(elements, 1, memory.first[memory.object(cell)] + begins);
                 memory.weigh(o);
                 settle(e, OBJECT, o);
             }
         }
 
         private void trimName(int e, int k, int place, int from, int elements) {
-            int o = memory.objects;
-            int copied = store.copyElements(place, from, elements, RESULT);
+            int o = memory.make(elements, 1, -1);
+            store.lineElements(place, from, o);
+            store.copyLine();
             memory.weigh(o);
-            if (memory.sizeOf(RESULT) > SIZE_MOST) {
+            if (memory.size[o] > SIZE_MOST) {
                 fail(NO_ROOM, k);
             }
-            takeSteps(copied, k);
-            settleCell(e, RESULT);
+            takeSteps(store.queued, k);
+            settle(e, OBJECT, o);
         }
 
         /* The parts that were worked, from one of them on, are the parameters. */
@@ -3606,17 +3605,8 @@ public final class AlgolHouse {
             settleCell(e, memory.top());
         }
 
-        private void finishLead(int e, int k) {
-            if (p.kind[k] == LOOP) {
-                startLoop(e, k);
-                return;
-            }
+        private void chooseUnit(int e, int k) {
             need(base[e], k);
-            phase[e] = P_CLAUSE;
-            if (p.kind[k] == WHEN) {
-                chooseWhen(e, k);
-                return;
-            }
             long number = memory.bits[base[e]];
             int units = p.kind[k] == IF ? 1 : p.data[k];
             long wanted = p.kind[k] == IF ? 2 - number : number;
@@ -3628,6 +3618,7 @@ public final class AlgolHouse {
         private void choose(int e, int k, int part) {
             memory.height = base[e];
             if (part < p.kids(k)) {
+                phase[e] = P_CLAUSE;
                 begin(p.kidAt(k, part));
             } else {
                 settle(e, UNDEFINED, 0);
@@ -3635,6 +3626,7 @@ public final class AlgolHouse {
         }
 
         private void chooseWhen(int e, int k) {
+            need(base[e], k);
             int union = memory.object(base[e]);
             int held = memory.member[union];
             for (int i = 0; i < p.more[k]; i++) {
@@ -3718,7 +3710,6 @@ public final class AlgolHouse {
         /* state: 0 ahead of a turn, 1 behind WHILE, 2 behind DO. */
         private void goOnLoop(int e, int k) {
             int at = base[e];
-            boolean asks = (p.data[k] & WITH_WHILE) != 0;
             if (state[e] == 0) {
                 startTurn(e, k);
             } else if (state[e] == 1) {
@@ -3802,12 +3793,13 @@ public final class AlgolHouse {
                 fail(NIL_USED, k);
             }
             int o = memory.objects;
-            int copied = store.copyOut(memory.within(cell), RESULT);
+            store.line(memory.within(cell), RESULT);
+            store.copyLine();
             memory.weigh(o);
             if (memory.sizeOf(RESULT) > SIZE_MOST) {
                 fail(NO_ROOM, k);
             }
-            takeSteps(copied, k);
+            takeSteps(store.queued, k);
             memory.copy(cell, RESULT);
             mode[e] = p.modes.inner(mode[e]);
         }
@@ -3818,7 +3810,7 @@ public final class AlgolHouse {
             if (what == STEP_VOID) {
                 memory.set(cell, UNDEFINED, 0);
             } else if (what == STEP_ROW || what == STEP_UNITE && p.modes.sort[mode[e]] != M_UNION) {
-                int o = memory.make(1, 1);
+                int o = memory.make(1, 1, -1);
                 memory.copy(memory.first[o], cell);
                 memory.member[o] = mode[e];
                 memory.weigh(o);
