@@ -16,6 +16,9 @@ public final class AlgolHouse {
     private static final int PLACES_MOST = 300;
     private static final int SIZE_MOST = 300;
     private static final int ELEMENTS_MOST = 64;
+    private static final long INT_MOST = 2147483647L;
+    private static final long INT_LEAST = -2147483648L;
+    private static final long LONG_LEAST = 1L << 63;
 
     /* Nodes are never more than tokens and one. */
     private static final int NODES_MOST = TEXT_MOST + 4;
@@ -354,7 +357,7 @@ public final class AlgolHouse {
     }
 
     private Program program(int p) {
-        if (p < 0 || p >= count) {
+        if (p < 0 || p >= count || held[p] == null) {
             throw new IndexOutOfBoundsException("no such program");
         }
         return held[p];
@@ -510,7 +513,7 @@ public final class AlgolHouse {
     }
 
     private Tale outcomeAt(int i) {
-        if (i < 0 || i >= keptCount) {
+        if (i < 0 || i >= keptCount || kept[i] == null) {
             throw new IndexOutOfBoundsException("no such outcome");
         }
         return kept[i];
@@ -651,7 +654,7 @@ public final class AlgolHouse {
                 number = to - from < 10 ? number * 10 + (text[to] - '0') : number;
                 to++;
             }
-            if (to - from > 10 || number > Integer.MAX_VALUE) {
+            if (to - from > 10 || number > INT_MOST) {
                 return -1;
             }
             add(T_NUMBER, from, (int) number, 0);
@@ -2310,6 +2313,7 @@ public final class AlgolHouse {
                 p.more[d] = slot;
                 slot++;
             }
+            p.data[serial] = slot;
         }
 
         private void bringOn(int c, int how) {
@@ -3219,9 +3223,9 @@ public final class AlgolHouse {
             tale.depth = Math.max(tale.depth, depth);
             range[depth] = k;
             link[depth] = inside;
-            int slot = slotCell(0);
-            for (int i = 0; i < ITEMS_MOST; i++) {
-                memory.tag[slot + i] = UNWORKED;
+            int slots = p.kind[k] == SERIAL ? p.data[k] : 0;
+            for (int i = 0; i < slots; i++) {
+                memory.tag[slotCell(i)] = UNWORKED;
             }
         }
 
@@ -3822,7 +3826,7 @@ public final class AlgolHouse {
         }
 
         private static boolean isInt(long value) {
-            return value == (int) value;
+            return value >= INT_LEAST && value <= INT_MOST;
         }
 
         private void standard(int e, int k) {
@@ -3843,7 +3847,7 @@ public final class AlgolHouse {
             if (p.name[k] == SHORTEN) {
                 return !isInt(a);
             }
-            return p.name[k] == T_MINUS && a == (p.data[k] == M_INT ? Integer.MIN_VALUE : Long.MIN_VALUE);
+            return p.name[k] == T_MINUS && a == (p.data[k] == M_INT ? INT_LEAST : LONG_LEAST);
         }
 
         private static long monadic(long sign, long a) {
@@ -3853,7 +3857,7 @@ public final class AlgolHouse {
         private boolean isWrongDyadic(int k, long a, long b) {
             int sign = (int) p.name[k];
             if (sign == T_OVER || sign == T_REST) {
-                long least = p.data[k] == M_INT ? Integer.MIN_VALUE : Long.MIN_VALUE;
+                long least = p.data[k] == M_INT ? INT_LEAST : LONG_LEAST;
                 return b == 0 || sign == T_OVER && b == -1 && a == least;
             }
             if (sign != T_PLUS && sign != T_MINUS && sign != T_TIMES) {
@@ -3870,7 +3874,7 @@ public final class AlgolHouse {
             if (sign == T_MINUS) {
                 return ((a ^ b) & (a ^ (a - b))) < 0;
             }
-            return a != 0 && (a * b / a != b || a == -1 && b == Long.MIN_VALUE);
+            return a != 0 && (a * b / a != b || a == -1 && b == LONG_LEAST);
         }
 
         private static long dyadic(int sign, long a, long b) {
