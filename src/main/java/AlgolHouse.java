@@ -236,8 +236,8 @@ public final class AlgolHouse {
     private static final int P_FINISH = 6;
     private static final int P_USE = 7;
 
-    private final Tokens tokens = new Tokens();
-    private final Reader reader = new Reader(tokens);
+    private final Reader reader = new Reader();
+    private final Tokens tokens = reader.tokens;
     private final Unfolder unfolder = new Unfolder();
     private final Judge judge = new Judge();
     private final Machine machine = new Machine();
@@ -1079,7 +1079,7 @@ public final class AlgolHouse {
     /** Reads the tokens into nodes, by descent; what can't come is a SYNTAX fault, told by an IllegalStateException. */
     private static final class Reader {
         private static final int NO_DECLARATION = -2;
-        final Tokens tokens;
+        final Tokens tokens = new Tokens();
         /* The nodes as they are made, a whole often behind its parts, and the modes as they are written. */
         final Program tree = new Program();
         final int[] kid = new int[NODES_MOST];
@@ -1100,10 +1100,6 @@ public final class AlgolHouse {
         boolean unitLast;
         int fault;
         int faultAt;
-
-        Reader(Tokens given) {
-            tokens = given;
-        }
 
         /* Leaves in fault the first of those that can be told as the tokens come, 0 without. */
         void readAll(Program to) {
@@ -2856,7 +2852,7 @@ public final class AlgolHouse {
 
     /** The PLACES of a run. What a PLACE has that isn't a STRUCT or ROW is in the memory's cell of that number. */
     private static final class Store {
-        final Memory memory;
+        final Memory memory = new Memory();
         Modes modes;
         final int[] mode = new int[PLACE_CELLS];
         final int[] first = new int[PLACE_CELLS];
@@ -2867,10 +2863,6 @@ public final class AlgolHouse {
         final int[] place = new int[PLACE_CELLS];
         final int[] cell = new int[PLACE_CELLS];
         int queued;
-
-        Store(Memory given) {
-            memory = given;
-        }
 
         void start(Modes programs) {
             modes = programs;
@@ -3131,8 +3123,8 @@ public final class AlgolHouse {
 
     /** Runs a program by small steps; a FAILURE ends it by an IllegalStateException, and is then in the tale. */
     private static final class Machine {
-        final Memory memory = new Memory();
-        final Store store = new Store(memory);
+        final Store store = new Store();
+        final Memory memory = store.memory;
         final Draws draws = new Draws();
         Program p;
         Tale tale;
