@@ -938,8 +938,15 @@ public final class AlgolHouse {
         final int[] hops = new int[NODES_MOST];
         final int[] tail = new int[NODES_MOST];
         final int[] rows = new int[NODES_MOST];
+        /*
+         * What else is known of a node, by its kind. data: the value of NUMBERS and TRUTH; 1 of ISNT and UPB; which parts
+         * GENERATOR, VARIABLE, LOOP have; how many parameters (OP), TAGS (SERIAL), UNITS (CASE); a SELECTION'S field;
+         * what PRINT, DYADIC, MONADIC (standard ones) have for a mode; a TAG'S RANGE; where the list of a ROUTINE or WHEN
+         * begins. more: how long that list is; the number in its RANGE of a TAG, IDENTITY, VARIABLE.
+         */
         final int[] data = new int[NODES_MOST];
         final int[] more = new int[NODES_MOST];
+        /* TAGS, and SIGNS: of a symbol its token's number, of an INDICANT its letters. */
         final long[] name = new long[NODES_MOST];
         /* Where a declared TAG stands; of a ROUTINE the innermost RANGE around it that it uses. */
         final int[] spot = new int[NODES_MOST];
@@ -3510,6 +3517,15 @@ public final class AlgolHouse {
             return place;
         }
 
+        /* A ROW'S lower bound, by its PLACE or (without one) by the cell that has it. */
+        private int lowerOf(int place, int cell) {
+            return place >= 0 ? store.lower[place] : memory.lower[memory.object(cell)];
+        }
+
+        private int countOf(int place, int cell) {
+            return place >= 0 ? store.count[place] : memory.count[memory.object(cell)];
+        }
+
         private void finishSelection(int e, int k) {
             int cell = base[e];
             need(cell, k);
@@ -3525,8 +3541,8 @@ public final class AlgolHouse {
             int cell = base[e];
             need(cell, k);
             int place = placeIn(cell, k);
-            int low = place >= 0 ? store.lower[place] : memory.lower[memory.object(cell)];
-            int many = place >= 0 ? store.count[place] : memory.count[memory.object(cell)];
+            int low = lowerOf(place, cell);
+            int many = countOf(place, cell);
             settle(e, PLAIN, p.data[k] == 0 ? low : (long) low + many - 1);
         }
 
@@ -3535,8 +3551,8 @@ public final class AlgolHouse {
             need(cell, k);
             need(worked(e, 1), k);
             int place = placeIn(cell, k);
-            int low = place >= 0 ? store.lower[place] : memory.lower[memory.object(cell)];
-            int many = place >= 0 ? store.count[place] : memory.count[memory.object(cell)];
+            int low = lowerOf(place, cell);
+            int many = countOf(place, cell);
             long at = memory.bits[worked(e, 1)] - low;
             if (at < 0 || at >= many) {
                 fail(BOUND, k);
@@ -3554,8 +3570,8 @@ public final class AlgolHouse {
             need(worked(e, 1), k);
             need(worked(e, 2), k);
             int place = placeIn(cell, k);
-            int low = place >= 0 ? store.lower[place] : memory.lower[memory.object(cell)];
-            int many = place >= 0 ? store.count[place] : memory.count[memory.object(cell)];
+            int low = lowerOf(place, cell);
+            int many = countOf(place, cell);
             long from = memory.bits[worked(e, 1)] - low;
             long to = memory.bits[worked(e, 2)] - low;
             if (from <= to && (from < 0 || to >= many)) {
