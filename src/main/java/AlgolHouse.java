@@ -251,9 +251,15 @@ public final class AlgolHouse {
     private Tale[] gathered = new Tale[OUTCOMES_MOST + 1];
     private int keptCount;
 
+    /* All rooms are made here and used again: no call makes one. */
     public AlgolHouse() {
-        count = 0;
-        keptCount = 0;
+        for (int p = 0; p < PROGRAMS_MOST; p++) {
+            held[p] = new Program();
+        }
+        for (int i = 0; i <= OUTCOMES_MOST; i++) {
+            kept[i] = new Tale();
+            gathered[i] = new Tale();
+        }
     }
 
     public int type(long eight) {
@@ -273,7 +279,7 @@ public final class AlgolHouse {
 
     public int read() throws IllegalStateException {
         checkRoom();
-        Program to = roomForProgram();
+        Program to = held[count];
         tokens.split();
         tokens.length = 0;
         judge.fault = 0;
@@ -295,14 +301,6 @@ public final class AlgolHouse {
         if (count >= PROGRAMS_MOST) {
             throw new IllegalStateException("there is no room for another program");
         }
-    }
-
-    /* Rooms for programs are made when they are needed first, and kept. */
-    private Program roomForProgram() {
-        if (held[count] == null) {
-            held[count] = new Program();
-        }
-        return held[count];
     }
 
     private boolean blame(int what, int place) {
@@ -357,7 +355,7 @@ public final class AlgolHouse {
     }
 
     private Program program(int p) {
-        if (p < 0 || p >= count || held[p] == null) {
+        if (p < 0 || p >= count) {
             throw new IndexOutOfBoundsException("no such program");
         }
         return held[p];
@@ -473,7 +471,7 @@ public final class AlgolHouse {
         int found = 0;
         machine.draws.startAll(most);
         for (int n = 1; n <= most; n++) {
-            machine.perform(of, steps, roomForTale(found));
+            machine.perform(of, steps, gathered[found]);
             found = countOutcome(found);
             if (machine.draws.over || found > OUTCOMES_MOST) {
                 return -1;
@@ -484,13 +482,6 @@ public final class AlgolHouse {
             }
         }
         return -1;
-    }
-
-    private Tale roomForTale(int i) {
-        if (gathered[i] == null) {
-            gathered[i] = new Tale();
-        }
-        return gathered[i];
     }
 
     private void keep(int found) {
@@ -513,7 +504,7 @@ public final class AlgolHouse {
     }
 
     private Tale outcomeAt(int i) {
-        if (i < 0 || i >= keptCount || kept[i] == null) {
+        if (i < 0 || i >= keptCount) {
             throw new IndexOutOfBoundsException("no such outcome");
         }
         return kept[i];

@@ -7,6 +7,7 @@ public final class TextsTest {
         newObject();
         typing();
         reading();
+        sixPrograms();
         Check.end();
     }
 
@@ -66,5 +67,68 @@ public final class TextsTest {
         Check.due("the fault stays", house.fault(0) + " " + house.fault(1), "3 2");
         Check.due("the text is read", house.read(), -1);
         Check.due("its fault", house.fault(0) + " " + house.fault(1), "3 0");
+    }
+
+    /* Rooms are used again behind clear(), for longer and shorter texts in turn: nothing of an old one may show. */
+    private static void sixPrograms() {
+        AlgolHouse house = new AlgolHouse();
+        Check.due("a fault", Check.read(house, "(1"), -1);
+        readSix(house, 0);
+        house.run(2, 0, 100);
+        Check.due("orders", house.orders(3, 100, 10), 1);
+        String before = state(house);
+        Check.type(house, "PRINT(9)");
+        for (int i = 0; i < 3; i++) {
+            Check.due("the seventh", Check.answer(house::read), "IllegalStateException");
+            Check.due("it changes nothing", state(house), before);
+            Check.due("nor the text", house.type(0), 8);
+        }
+        for (int round = 1; round < 4; round++) {
+            Check.due("clear", house.clear(), 6);
+            Check.due("none is left", house.programs(), 0);
+            if (round == 1) {
+                Check.due("the text was kept", house.read(), 0);
+                Check.due("its nodes", house.nodes(0), 3);
+                Check.due("clear", house.clear(), 1);
+            }
+            readSix(house, round);
+            Check.due("the seventh", Check.answer(house::read), "IllegalStateException");
+        }
+    }
+
+    private static void readSix(AlgolHouse house, int round) {
+        for (int i = 0; i < 6; i++) {
+            Check.due("programs", house.programs(), i);
+            Check.due("the number of a program", Check.read(house, counting(i, round)), i);
+        }
+        Check.due("programs", house.programs(), 6);
+        for (int i = 0; i < 6; i++) {
+            int units = 1 + (i + 2 * round) % 5;
+            Check.due("nodes", house.nodes(i), 1 + 2 * units);
+            Check.due("run", house.run(i, 0, 100), 0);
+            Check.due("numbers", house.told(), units);
+            Check.due("the last number", house.number(units - 1), 100 * round + 10 * i + units);
+        }
+    }
+
+    /* PRINTS of some numbers, 1 to 5 of them. */
+    private static String counting(int i, int round) {
+        StringBuilder text = new StringBuilder();
+        int units = 1 + (i + 2 * round) % 5;
+        for (int u = 1; u <= units; u++) {
+            text.append(u > 1 ? ";" : "").append("PRINT(").append(100 * round + 10 * i + u).append(')');
+        }
+        return text.toString();
+    }
+
+    /* What can be asked for but the text, in few calls: an object has 512 of them. */
+    private static String state(AlgolHouse house) {
+        StringBuilder all = new StringBuilder();
+        all.append(house.programs()).append(' ').append(house.fault(0)).append(' ').append(house.fault(1)).append(' ');
+        for (int p = 0; p < house.programs(); p++) {
+            all.append(house.nodes(p)).append(',').append(house.node(p, 2, 1)).append(' ');
+        }
+        all.append(Check.told(house)).append(' ').append(house.outcome(0, 2)).append(' ').append(house.outcomes(0, 0));
+        return all.append(' ').append(Check.answer(() -> house.outcome(1, 0))).toString();
     }
 }
