@@ -1969,7 +1969,7 @@ public final class AlgolHouse {
                 order[t] = place(t, to);
                 int from = t;
                 t = kid[t];
-                while (t < 0 && from != root) {
+                for (int climb = 0; climb <= NODES_MOST && t < 0 && from >= 0 && from != root; climb++) {
                     t = next[from];
                     from = tree.up[from];
                 }
