@@ -56,6 +56,27 @@ final class Check {
         faulty(text, 0, -1);
     }
 
+    /* A | stands in some texts where a token begins: it marks the place that is due, and no token has that byte. */
+    static int mark(String marked) {
+        return marked.indexOf('|');
+    }
+
+    static String plain(String marked) {
+        return marked.replace("|", "");
+    }
+
+    static void faultyAt(int fault, String marked) {
+        faulty(plain(marked), fault, mark(marked));
+    }
+
+    static void syntaxAt(String marked) {
+        faultyAt(1, marked);
+    }
+
+    static void failsAt(int failure, String marked) {
+        fails(plain(marked), failure, mark(marked));
+    }
+
     /** Failure, place, steps, places, depth, then what was told. */
     static String run(String text, long seed, int steps) {
         AlgolHouse house = new AlgolHouse();
@@ -96,6 +117,10 @@ final class Check {
     static void fails(String text, int failure, int place) {
         String all = outline(text);
         due("failure of " + text, all.split(" :")[0], failure + " " + place);
+    }
+
+    static String many(String part, int times) {
+        return part.repeat(times);
     }
 
     static void end() {
