@@ -107,7 +107,7 @@ public final class TokensEdgeTest {
         Check.syntaxAt("INT |1a=1;1");
         Check.syntaxAt("1|a");
         Check.syntaxAt("INT a=1;a|INT(1)");
-        Check.syntaxAt("1;aa|A");
+        Check.syntaxAt("1;aaA|");
     }
 
     private static void numbers() {
