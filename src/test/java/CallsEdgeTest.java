@@ -137,6 +137,14 @@ public final class CallsEdgeTest {
         Check.due("it stays", house.fault(0) + " " + house.fault(1), "1 3");
         Check.due("another fault", Check.read(house, "1+TRUE"), -1);
         Check.due("it", house.fault(0) + " " + house.fault(1), "6 1");
+        Check.due("SYNTAX behind it", Check.read(house, "1;)"), -1);
+        Check.due("it", house.fault(0) + " " + house.fault(1), "1 2");
+        Check.due("a mode's fault behind it", Check.read(house, "LOC VOID a;)"), -1);
+        Check.due("it", house.fault(0) + " " + house.fault(1), "1 11");
+        Check.due("a mode's fault behind it", Check.read(house, "LOC VOID a;1"), -1);
+        Check.due("it", house.fault(0) + " " + house.fault(1), "4 4");
+        Check.due("OPERATION again", Check.read(house, "1+TRUE"), -1);
+        Check.due("it", house.fault(0) + " " + house.fault(1), "6 1");
         Check.due("no program more", house.programs(), 1);
         Check.due("a program", Check.read(house, "2"), 1);
         house.run(0, 0, 9);
@@ -411,6 +419,12 @@ public final class CallsEdgeTest {
         ordersAre("[]INT a=(1,2,3,4);[]INT b=(1,2,3);1", 99, 143, "-1");
         ordersAre("[]INT a=(1,2,3,4,5);[]INT b=1;1", 99, 200, "1 |0 -1 x120:");
         ordersAre("TO 199 DO 1+1 OD", 3000, 200, "-1");
+        String chain = "REF INT z=NIL;PROC INT f=INT:z;1";
+        ordersAre(chain + "+f".repeat(199), 3000, 200, "1 |2 29 x200:");
+        ordersAre(chain + "+f".repeat(199), 3000, 199, "-1");
+        ordersAre(chain + "+f".repeat(200), 3000, 200, "-1");
+        ordersAre(chain + "+f".repeat(12), 3000, 13, "1 |2 29 x13:");
+        ordersAre(chain + "+f".repeat(12), 3000, 12, "-1");
         ordersAre("1/0+(1+1)", 99, 6, "1 |5 1 x6:");
     }
 
@@ -440,6 +454,8 @@ public final class CallsEdgeTest {
         Check.due("12 outcomes", twelve.orders(0, 99, 24), 12);
         Check.due("each twice", twelve.outcome(0, 3) + " " + twelve.outcome(11, 3), "2 2");
         throwsIt("a 13th", () -> twelve.outcome(12, 0), INDEX);
+        AlgolHouse just = house("LOC BOOL b:=FALSE;PROC INT s=INT:(b:=TRUE;1);INT q=IF b THEN 1/0 ELSE 1 FI+s;[]INT a=(" + String.join(",", wide) + ");1");
+        Check.due("13 outcomes", just.orders(0, 999, 200), -1);
         AlgolHouse thirteen = house("[]INT a=((PRINT(1);1),(PRINT(2);1),(PRINT(3);1),(PRINT(4);1));1");
         Check.due("more than 12", thirteen.orders(0, 99, 24), -1);
     }

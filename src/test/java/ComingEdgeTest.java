@@ -162,6 +162,8 @@ public final class ComingEdgeTest {
         Check.faultyAt(3, "(INT a)INT:1;|a");
         Check.faultyAt(3, "CASE UNION(INT,BOOL)(1)WHEN(INT a):1,(BOOL b):|a ESAC");
         Check.faultyAt(3, "CASE UNION(INT,BOOL)(|a)WHEN(INT a):1 ESAC");
+        Check.faultyAt(3, "UNION(INT,BOOL)u=1;CASE u WHEN(INT a):1 OUT |b ESAC;CASE u WHEN(INT b):1 ESAC");
+        Check.faultyAt(3, "UNION(INT,BOOL)u=1;CASE u WHEN(INT a):CASE u WHEN(INT b):1,(BOOL c):2 ESAC OUT |b ESAC");
         Check.faultyAt(2, "INT a=1;LOC INT |a;1");
         Check.faultyAt(2, "x;INT a=1;BOOL |a=1;x");
         Check.faultyAt(2, "INT a=1;1;INT b=2;HEAP INT |b;INT a=2;1");
@@ -398,6 +400,10 @@ public final class ComingEdgeTest {
         Check.faultyAt(5, "(SKIP)IS(|NIL)");
         Check.faultyAt(5, "REF INT a=NIL;|(1,2)IS a");
         Check.faultyAt(5, "REF INT a=NIL;a IS |(1,2)");
+        Check.faultyAt(5, "|(1,2)IS 1");
+        Check.faultyAt(5, "|IF TRUE THEN NIL ELSE(1,2)FI IS 1");
+        steps(TAG, "PROC REF INT b=SKIP;([]INT r=(1,2);NIL)IS |b", "1");
+        steps(TAG, "PROC REF INT b=SKIP;IF[]INT r=(1,2);TRUE THEN SKIP FI IS |b", "1");
         Check.faultyAt(3, "1 IS |x");
         Check.faultyAt(3, "|x IS 1");
         Check.faultyAt(5, "REF INT a=NIL;REF INT b=IF TRUE THEN a ELSE |1 FI;1");

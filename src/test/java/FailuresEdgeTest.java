@@ -22,6 +22,7 @@ public final class FailuresEdgeTest {
         agesThatLeave();
         numbers();
         longNumbers();
+        comparisons();
         places();
         sizes();
         sizesOfSteps();
@@ -187,6 +188,10 @@ public final class FailuresEdgeTest {
         Check.prints("LOC STRUCT(INT q,REF INT p)s;(s:=(1,HEAP INT);1);(s:=(1,NIL);s:=SKIP;1);PRINT(1)", "I1");
         Check.prints("LOC INT a;LOC[]REF INT s;(s:=(a,NIL,a);1);PRINT(UPB s)", "I3");
         Check.failsAt(4, "|HEAP STRUCT(REF INT p,INT q)s:=(LOC INT,1);1");
+        Check.prints("HEAP[]INT h:=(1,2);HEAP STRUCT(INT p,REF INT q)s:=(3,NIL);HEAP UNION(INT,BOOL)u:=4;h:=h[2:2];s:=s;u:=u;PRINT(h[1])", "I2");
+        Check.failsAt(4, "LOC[]REF INT r;(LOC INT a;[]REF INT s=(NIL,a);r:=s[1:1];r|:=s[2:2];1)");
+        Check.failsAt(4, "LOC[]REF INT r;(LOC INT a;LOC[]REF INT s:=(NIL,a);r:=s[1:1];r|:=s[2:2];1)");
+        Check.failsAt(4, "LOC STRUCT([]REF INT p)r;(LOC INT a;p OF r|:=[]REF INT(a);1)");
         Check.failsAt(4, "|HEAP PROC INT f:=(INT:a);INT a=1;1");
         Check.prints("HEAP PROC INT f:=(INT:7);PRINT(f)", "I7");
         Check.failsAt(4, "LOC REF REF INT r;(LOC REF INT s:=HEAP INT;r|:=s;1)");
@@ -262,6 +267,9 @@ public final class FailuresEdgeTest {
         Check.failsAt(5, "-65536|*32769");
         Check.failsAt(5, least + "|-l");
         Check.failsAt(5, least + "l|*(-1)");
+        Check.failsAt(5, least + "(-1)|*l");
+        Check.prints(least + "PRINT(0*l);PRINT(l*0);PRINT(1*l);PRINT(-1*5);PRINT(5*(-1));PRINT(-1*(-1));PRINT(0/5);PRINT(0%5)",
+                "I0 I0 I-2147483648 I-5 I-5 I1 I0 I0");
         Check.failsAt(5, least + "l|/(-1)");
         Check.failsAt(5, least + "0|-l");
         Check.failsAt(5, least + "l|+l");
@@ -287,6 +295,9 @@ public final class FailuresEdgeTest {
         for (String marked : wrong) {
             Check.failsAt(5, most + marked);
         }
+        Check.prints(most + "PRINT(o*l);PRINT((-o)*m);PRINT(m*(-o));PRINT(LONG 0*l);PRINT(l*LONG 0);PRINT((-o)*LONG 5);PRINT(-o*(-o));PRINT(m/(-o));"
+                + "PRINT(m%(-o));PRINT(-o+o)", "L-9223372036854775808 L-9223372036854775807 L-9223372036854775807 L0 L0 L-5 L1 L-9223372036854775807 L0 L0");
+        Check.prints("LONG o=7;LONG t=2;PRINT(o/t);PRINT(-o/t);PRINT(o/(-t));PRINT(o%t);PRINT(-o%t);PRINT(o%(-t))", "L3 L-3 L-3 L1 L-1 L1");
         String root = "LONG r=LONG 2147483647+LONG 889516852;";
         Check.prints(root + "PRINT(r*r);PRINT(r*(-r))", "L9223372030926249001 L-9223372030926249001");
         Check.failsAt(5, root + "(r+LONG 1)|*(r+LONG 1)");
@@ -296,6 +307,25 @@ public final class FailuresEdgeTest {
         Check.failsAt(5, "|SHORTEN(-LONG 2147483647-LONG 2)");
         Check.failsAt(5, most + "|SHORTEN m");
         Check.prints("INT i=-2147483647-1;LONG l=i;PRINT(l);PRINT(LENG i-LONG 1);PRINT(-LENG i)", "L-2147483648 L-2147483649 L2147483648");
+    }
+
+    /* Each comparison of less, the same and more; and each of two BOOLS. */
+    private static void comparisons() {
+        String[] signs = {"=", "/=", "<", "<=", ">", ">="};
+        boolean[][] holds = {{false, true, false}, {true, false, true}, {true, false, false}, {true, true, false}, {false, false, true}, {false, true, true}};
+        for (int s = 0; s < signs.length; s++) {
+            String want = "B" + (holds[s][0] ? 1 : 0) + " B" + (holds[s][1] ? 1 : 0) + " B" + (holds[s][2] ? 1 : 0);
+            Check.prints("PRINT(1@2);PRINT(2@2);PRINT(3@2)".replace("@", signs[s]), want);
+            Check.prints("PRINT(-2@2);PRINT(-2@(-2));PRINT(2@(-2))".replace("@", signs[s]), want);
+            Check.prints("PRINT(LONG 1@LONG 2);PRINT(LONG 2@LONG 2);PRINT(LONG 3@LONG 2)".replace("@", signs[s]), want);
+        }
+        String both = "PRINT(FALSE@FALSE);PRINT(FALSE@TRUE);PRINT(TRUE@FALSE);PRINT(TRUE@TRUE)";
+        Check.prints(both.replace("@", "="), "B1 B0 B0 B1");
+        Check.prints(both.replace("@", "/="), "B0 B1 B1 B0");
+        Check.prints(both.replace("@", "&"), "B0 B0 B0 B1");
+        Check.prints(both.replace("@", "!"), "B0 B1 B1 B1");
+        Check.prints("PRINT(~TRUE);PRINT(~FALSE);PRINT(+3);PRINT(-3);PRINT(+LONG 3);PRINT(-LONG 3);PRINT(LENG 3);PRINT(SHORTEN LONG 3)",
+                "B0 B1 I3 I-3 L3 L-3 L3 I3");
     }
 
     /* Failure, its place, and how many PLACES were made. */
@@ -343,6 +373,9 @@ public final class FailuresEdgeTest {
         makes(most + "LOC[1:36]INT e;LOC[]INT f;f:=(1,2);f:=();f:=SKIP;1", "0 -1 300");
         makes(most + "LOC[1:13]STRUCT(INT p,INT q)e;1", "0 -1 300");
         makes(most + "LOC[1:14]STRUCT(INT p,INT q)e;1", "6 60 260");
+        makes(most + "LOC[1:30]INT e;LOC[][]INT f;f:=((1,2),(1,2,3,4));1", "0 -1 300");
+        makes(most + "LOC[1:30]INT e;LOC[][]INT f;f:=((1,2),(1,2,3,4,5));1", "6 89 292");
+        makes(most + "LOC[1:30]INT e;LOC[][]INT f:=((1,2),(1,2,3,4,5));1", "6 75 292");
         makes("FOR i TO 300 DO LOC INT OD;PRINT(1)", "0 -1 300");
         makes("FOR i TO 301 DO LOC INT OD;PRINT(1)", "6 16 300");
         String modes = "MODE A=STRUCT(INT p,INT q,INT r,INT s,INT t,INT u,INT v,INT w);MODE B=STRUCT(A p,A q,A r,A s,A t,A u,A v,A w);";
@@ -351,6 +384,14 @@ public final class FailuresEdgeTest {
         makes(modes + "LOC[1:5]B a;1", "6 " + modes.length() + " 0");
         makes(modes + "LOC[1:4]B a;LOC[1:6]INT b;1", "0 -1 300");
         makes(modes + "LOC[1:4]B a;HEAP[1:7]INT b;1", "6 " + (modes.length() + 12) + " 293");
+        String turned = "MODE B=STRUCT(A p,A q,A r,A s,A t,A u,A v,A w);MODE A=STRUCT(INT p,INT q,INT r,INT s,INT t,INT u,INT v,INT w);";
+        makes(turned + "LOC[1:4]B a;1", "0 -1 293");
+        makes(turned + "LOC[1:5]B a;1", "6 " + turned.length() + " 0");
+        makes(turned + "LOC STRUCT(B p,B q,B r,B s,STRUCT(INT a,INT b,INT c,INT d,INT e)t,INT u)a;1", "0 -1 300");
+        makes(turned + "LOC STRUCT(B p,B q,B r,B s,STRUCT(INT a,INT b,INT c,INT d,INT e)t,INT u,INT v)a;1", "6 " + turned.length() + " 0");
+        makes(turned + "LOC STRUCT(B p,B q,B r,B s,B t)a;1", "6 " + turned.length() + " 0");
+        makes("MODE E=STRUCT(D a,D b,D c,D d);MODE D=STRUCT(A a,A b,A c,A d);MODE A=STRUCT(B a,B b,B c,B d);MODE B=STRUCT(INT a,INT b,INT c,INT d);LOC E e;1",
+                "6 132 0");
     }
 
     private static void sizes() {
@@ -370,6 +411,8 @@ public final class FailuresEdgeTest {
         Check.failsAt(6, less + "[][][][][]INT d=|c;1");
         Check.prints(less + "UNION([][][]INT,INT)d=c;PRINT(1)", "I1");
         Check.failsAt(6, full + "UNION([][][]INT,INT)d=|c;1");
+        Check.prints(SIZES + "[][]INT d=b[1:7];[][][]INT c=(d,b,b,b,x);PRINT(UPB c)", "I5");
+        Check.failsAt(6, SIZES + "[][]INT d=b[1:7];[][][]INT c=|(d,b,b,b,b);1");
         Check.prints(full + "[][][]INT d=c;PROC[][][]INT f=[][][]INT:c;PRINT(UPB f[1:5])", "I5");
         Check.prints(less + "UNION([][][]INT,INT)d=c;UNION([][][]INT,INT,BOOL)e=d;PRINT(1)", "I1");
         String struct = SIZES + "[][][]INT c=(b,b,b,b,[]INT((1,#)));MODE U=UNION([][][]INT,INT);LOC STRUCT(U p,INT q)s;p OF s:=c;";
@@ -419,6 +462,7 @@ public final class FailuresEdgeTest {
         deepest("UNION(INT,BOOL)u=1;CASE u WHEN(INT i):1 ESAC", 2);
         deepest("UNION(INT,BOOL)u=1;CASE u WHEN(INT i):(1)ESAC", 3);
         deepest("UNION(INT,BOOL)u=TRUE;CASE u WHEN(INT i):(1)OUT 1 ESAC", 2);
+        deepest("UNION(INT,BOOL)u=TRUE;CASE u WHEN(INT a):1 OUT(1)ESAC;CASE u WHEN(BOOL b):2 ESAC", 3);
         deepest("[]INT a=(1,2);a[1]", 1);
         String[][] inner = {{"|1", ""}, {"(|1)", "1"}, {"|FOR i TO 1 DO 1 OD", "1"}, {"f|(1)", "1"}, {"|A 1", "1"}, {"1|B 1", "1"},
             {"|g", "1"}, {"CASE |u WHEN(INT i):1 ESAC", "1"}, {"IF |TRUE THEN 1 FI", "1"}, {"PRINT(|g)", "1"}};

@@ -135,6 +135,12 @@ public final class ModesEdgeTest {
         Check.good("MODE U=UNION(V,BOOL);MODE V=UNION(INT,LONG);1");
         Check.faultyAt(4, "MODE U=UNION(V,BOOL);MODE V=|UNION(INT);1");
         Check.faultyAt(4, "LOC UNION(INT,|UNION(BOOL))u;1");
+        Check.faultyAt(4, "|UNION(INT)u=1;1");
+        Check.faultyAt(4, "|UNION(INT)u=1;UNION(BOOL)v=1;1");
+        Check.faultyAt(4, "|UNION(UNION(INT),UNION(INT))u=1;1");
+        String many = "MODE C=UNION(INT,BOOL);MODE B=UNION(C,C,C,C,C,C,C,C);MODE A=UNION(B,B,B,B,B,B,B,B);MODE D=UNION(A,A,A,A,A,A,A,A);"
+                + "MODE E=UNION(D,D,D,D,D,D,D,D);";
+        Check.prints(many + "E e=3;CASE e WHEN(BOOL b):PRINT(b),(C c):PRINT(4)ESAC", "I4");
         Check.faultyAt(4, "LOC UNION(INT,REF |UNION(BOOL,BOOL))u;1");
         Check.faultyAt(4, "CASE UNION(INT,BOOL)(1)WHEN(|UNION(INT)a):1 ESAC");
     }

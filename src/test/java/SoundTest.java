@@ -14,6 +14,8 @@ public final class SoundTest {
         "LOC INT n:=2;[]INT a=((n:=n-1;6/n),(n:=n-1;n));PRINT(a[1]);PRINT(a[2])",
     };
 
+    private static int calls;
+
     private SoundTest() {
     }
 
@@ -35,12 +37,16 @@ public final class SoundTest {
         return text.length() > 480 ? text.substring(0, 480) : text.toString();
     }
 
+    /* An object has 512 calls; a text takes no more than some 440 of them, most take few. */
     private static void soup() {
         Random random = new Random(68);
-        AlgolHouse house = new AlgolHouse();
+        AlgolHouse used = new AlgolHouse();
         int programs = 0;
-        for (int i = 0; i < 60000; i++) {
+        for (int i = 0; i < 40000; i++) {
             String text = soup(random);
+            used = calls > 64 ? new AlgolHouse() : used;
+            calls = calls > 64 ? 0 : calls;
+            AlgolHouse house = used;
             String answer = Check.answer(() -> useAll(house, text, random));
             programs += answer.equals("true") ? 1 : 0;
             Check.due("all calls of " + text, answer.equals("true") || answer.equals("false"), true);
@@ -50,6 +56,7 @@ public final class SoundTest {
 
     private static boolean useAll(AlgolHouse house, String text, Random random) {
         int p = Check.read(house, text);
+        calls += text.length() / 8 + 12 + (p < 0 ? 0 : 6 * house.nodes(p));
         if (p < 0) {
             Check.due("a fault of " + text, house.fault(0) >= 1 && house.fault(0) <= 6 && house.fault(1) >= 0
                     && house.fault(1) <= text.length(), true);

@@ -244,6 +244,8 @@ public final class StepsEdgeTest {
         Check.prints(modes + "U u=3;V v=u;CASE v WHEN(U w):CASE w WHEN(INT i):PRINT(i)ESAC ESAC", "I3");
         Check.prints(modes + "LOC V v:=1;v:=TRUE;v:=U(8);CASE v WHEN(INT i):PRINT(i),(BOOL b):PRINT(b)ESAC", "I8");
         Check.prints(modes + "V v=1;CASE v WHEN(V w):CASE w WHEN(INT i):PRINT(i)ESAC ESAC", "I1");
+        Check.prints(modes + "V v=LONG 1;U u=2;CASE u WHEN(BOOL b):PRINT(0),(INT i):CASE v WHEN(INT k):PRINT(1)OUT PRINT(5)ESAC ESAC", "I5");
+        Check.prints(modes + "V v=LONG 1;U u=2;CASE u WHEN(BOOL b):PRINT(0),(INT i):CASE v WHEN(INT k):PRINT(1),(LONG l):PRINT(l)ESAC OUT PRINT(6)ESAC", "L1");
         Check.prints("UNION(INT,STRUCT(BOOL b))u=2;CASE u WHEN(REF INT r):PRINT(0),(LONG l):PRINT(0),(INT i):PRINT(i)ESAC", "I2");
     }
 

@@ -11,6 +11,7 @@ public final class TokensEdgeTest {
     public static void main(String[] args) {
         texts();
         blanks();
+        letters();
         boldWords();
         keptWords();
         tags();
@@ -53,6 +54,20 @@ public final class TokensEdgeTest {
                 Check.faulty("1;" + (char) other + "1", 1, 2);
                 Check.faulty("1 " + (char) other, 1, 2);
             }
+        }
+    }
+
+    private static void letters() {
+        for (char c = 'A'; c <= 'Z'; c++) {
+            Check.good("MODE " + c + "=INT;" + c + " a=1;a");
+            Check.good("MODE A" + c + "=INT;A" + c + "(1)");
+            char small = (char) (c + 32);
+            Check.good("INT " + small + "=1;" + small);
+            Check.good("INT a" + small + "=1;a" + small);
+        }
+        for (char c = '0'; c <= '9'; c++) {
+            Check.good("INT a" + c + "=1;a" + c);
+            Check.prints("PRINT(" + c + ");PRINT(1" + c + ")", "I" + c + " I1" + c);
         }
     }
 
@@ -137,6 +152,11 @@ public final class TokensEdgeTest {
         Check.syntaxAt("1<=|=2");
         Check.syntaxAt("1=|<2");
         Check.syntaxAt("1+|=2");
+        Check.syntaxAt("1<=|");
+        Check.syntaxAt("1>=|");
+        Check.syntaxAt("1/=|");
+        Check.syntaxAt("1:=|");
+        Check.syntaxAt("1<|");
         Check.good("OP <==(INT a,INT b)INT:1;OP ==(INT a,INT b)INT:1;OP /==(INT a,INT b)INT:1;1");
         Check.good("OP < =(INT a,INT b)INT:1;OP / =(INT a,INT b)INT:1;1");
         Check.syntaxAt("OP <=|(INT a,INT b)INT:1;1");
