@@ -165,6 +165,13 @@ public final class ComingEdgeTest {
         Check.faultyAt(3, "UNION(INT,BOOL)u=1;CASE u WHEN(INT a):1 OUT |b ESAC;CASE u WHEN(INT b):1 ESAC");
         Check.faultyAt(3, "UNION(INT,BOOL)u=1;CASE u WHEN(INT a):CASE u WHEN(INT b):1,(BOOL c):2 ESAC OUT |b ESAC");
         Check.faultyAt(2, "INT a=1;LOC INT |a;1");
+        Check.faultyAt(2, "LOC INT a;INT |a=1;1");
+        Check.faultyAt(2, "LOC INT a;LOC BOOL |a;1");
+        Check.faultyAt(2, "INT a=1;INT |a=1;1");
+        Check.faultyAt(2, "HEAP INT b;LOC INT a;HEAP INT |a:=1;1");
+        means("CASE 1;2;UNION(INT,BOOL)(1)WHEN(INT a):a,(BOOL b):b ESAC", 39, 26, 0);
+        means("CASE 1;2;UNION(INT,BOOL)(1)WHEN(INT a):a,(BOOL b):b ESAC", 50, 26, 0);
+        Check.faultyAt(3, "CASE 1;2;UNION(INT,BOOL)(1)WHEN(INT a):a,(BOOL b):|a ESAC");
         Check.faultyAt(2, "x;INT a=1;BOOL |a=1;x");
         Check.faultyAt(2, "INT a=1;1;INT b=2;HEAP INT |b;INT a=2;1");
         Check.faultyAt(3, "|x;(INT a=1;INT a=2;1)");
@@ -524,6 +531,11 @@ public final class ComingEdgeTest {
         steps(15, "LOC INT a;LONG b=IF TRUE THEN |1 ELSE a FI;1", "4");
         steps(15, "PRINT(IF TRUE THEN(1;LONG 1)ELSE IF TRUE THEN SKIP ELSE |2 FI FI)", "4");
         steps(25, "PROC INT p=SKIP;PRINT(|CASE 1 IN p,p ESAC)", "1");
+        Check.faultyAt(5, "1+(1;IF TRUE THEN 1 ELSE |TRUE FI)");
+        Check.faultyAt(5, "PRINT((1;CASE 1 IN 1,|TRUE ESAC))");
+        Check.faultyAt(5, "IF 1;IF TRUE THEN TRUE ELSE |1 FI THEN 1 FI");
+        steps(TAG, "LOC INT a;PRINT((1;IF TRUE THEN 1 ELSE |a FI))", "2");
+        steps(1, "LOC INT a;PRINT((|1;2;IF TRUE THEN a ELSE a FI))", "2");
     }
 
     /* Of several faults that of the part that is judged first is told; a part comes right behind it has been judged. */
@@ -625,6 +637,8 @@ public final class ComingEdgeTest {
         meansOp("OP LENG=(INT a)INT:1;|LENG 1", 11, 0);
         meansOp("OP LENG=(BOOL a)INT:1;|LENG 1", 11, -1);
         meansOp("OP ~=(INT a)INT:1;|~1", 11, 0);
+        meansOp("OP Q=(INT a,BOOL b)INT:1;1+1 |Q TRUE", 10, 0);
+        meansOp("OP Q=(BOOL a,INT b)INT:1;(1;TRUE)|Q 1*2", 10, 0);
         meansOp("OP ~=(INT a)INT:1;|~TRUE", 11, -1);
         Check.faultyAt(6, "(" + ints + "1);TRUE|+2");
         Check.faultyAt(6, "(OP Q=(INT a)INT:1;1);|Q 1");
@@ -665,6 +679,13 @@ public final class ComingEdgeTest {
             }
         }
         Check.faultyAt(6, "1 |LENG 1");
+        for (String sign : signs) {
+            Check.faultyAt(6, "PRINT(1)|" + sign + " PRINT(2)");
+            Check.faultyAt(6, "DO 1 OD|" + sign + " 1");
+        }
+        for (String sign : ones) {
+            Check.faultyAt(6, "|" + sign + " PRINT(1)");
+        }
         Check.faultyAt(6, "LONG 1 |SHORTEN LONG 1");
     }
 
@@ -698,6 +719,8 @@ public final class ComingEdgeTest {
         modeAt(18, "LOC INT a;|a", 4);
         modeAt(18, "LONG a=1;|a", 1);
         modeAt(18, "FOR i DO |i OD", 0);
+        modeAt(18, "(BOOL a,BOOL b)INT:1;FOR i DO |i OD", 0);
+        modeAt(18, "(BOOL a,BOOL b)INT:1;(BOOL a,LONG b)INT:(|b;1)", 1);
         modeAt(18, "(BOOL b)INT:(|b;1)", 2);
         modeAt(18, "CASE UNION(INT,BOOL)(1)WHEN(BOOL b):|b ESAC", 2);
         modeAt(19, "|LONG(1)", 1);

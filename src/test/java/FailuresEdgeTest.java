@@ -73,6 +73,12 @@ public final class FailuresEdgeTest {
         Check.failsAt(1, "INT u=CASE 9 IN 1,2 ESAC;|PRINT(u)");
         Check.failsAt(1, "INT u=CASE UNION(INT,BOOL)(TRUE)WHEN(INT i):i ESAC;|PRINT(u)");
         Check.failsAt(1, "LONG u=INT(SKIP);|PRINT(u)");
+        Check.failsAt(1, "LOC[]INT u:=SKIP;[]INT v=u;|UPB v");
+        Check.failsAt(1, "LOC[]INT u:=SKIP;[]INT v=u;v|[1:0]");
+        Check.failsAt(1, "LOC[]INT u:=SKIP;LOC[]INT w:=u;|LWB w");
+        Check.failsAt(1, "LOC[]INT u:=(1,2);u:=SKIP;LOC[]INT w:=(1,2);w:=u;w|[1]");
+        Check.failsAt(1, "LOC STRUCT([]INT p)u:=SKIP;STRUCT([]INT p)v=u;|UPB p OF v");
+        Check.failsAt(1, "LOC[1:2][]INT u;u[2]:=SKIP;[][]INT v=u;PRINT(UPB v[1]);|UPB v[2]");
         Check.failsAt(1, "[]INT u=INT(SKIP);PRINT(UPB u);|PRINT(u[1])");
     }
 
@@ -298,6 +304,7 @@ public final class FailuresEdgeTest {
         Check.prints(most + "PRINT(o*l);PRINT((-o)*m);PRINT(m*(-o));PRINT(LONG 0*l);PRINT(l*LONG 0);PRINT((-o)*LONG 5);PRINT(-o*(-o));PRINT(m/(-o));"
                 + "PRINT(m%(-o));PRINT(-o+o)", "L-9223372036854775808 L-9223372036854775807 L-9223372036854775807 L0 L0 L-5 L1 L-9223372036854775807 L0 L0");
         Check.prints("LONG o=7;LONG t=2;PRINT(o/t);PRINT(-o/t);PRINT(o/(-t));PRINT(o%t);PRINT(-o%t);PRINT(o%(-t))", "L3 L-3 L-3 L1 L-1 L1");
+        Check.prints(most + "PRINT(m>l);PRINT(m=m);PRINT(l<m);PRINT(m/=l);PRINT(m<=l);PRINT(l>=m);PRINT(l=l)", "B1 B1 B1 B1 B0 B0 B1");
         String root = "LONG r=LONG 2147483647+LONG 889516852;";
         Check.prints(root + "PRINT(r*r);PRINT(r*(-r))", "L9223372030926249001 L-9223372030926249001");
         Check.failsAt(5, root + "(r+LONG 1)|*(r+LONG 1)");
@@ -464,7 +471,7 @@ public final class FailuresEdgeTest {
         deepest("UNION(INT,BOOL)u=TRUE;CASE u WHEN(INT i):(1)OUT 1 ESAC", 2);
         deepest("UNION(INT,BOOL)u=TRUE;CASE u WHEN(INT a):1 OUT(1)ESAC;CASE u WHEN(BOOL b):2 ESAC", 3);
         deepest("[]INT a=(1,2);a[1]", 1);
-        String[][] inner = {{"|1", ""}, {"(|1)", "1"}, {"|FOR i TO 1 DO 1 OD", "1"}, {"f|(1)", "1"}, {"|A 1", "1"}, {"1|B 1", "1"},
+        String[][] inner = {{"|1", ""}, {"(|1)", "1"}, {"(|1+1)", "1"}, {"BEGIN |MODE M=INT;1 END", "1"}, {"|FOR i TO 1 DO 1 OD", "1"}, {"f|(1)", "1"}, {"|A 1", "1"}, {"1|B 1", "1"},
             {"|g", "1"}, {"CASE |u WHEN(INT i):1 ESAC", "1"}, {"IF |TRUE THEN 1 FI", "1"}, {"PRINT(|g)", "1"}};
         String setup = "PROC(INT)INT f=(INT a)INT:1;OP A=(INT a)INT:1;OP B=(INT a,INT b)INT:1;PROC INT g=INT:1;UNION(INT,BOOL)u=1;";
         for (String[] part : inner) {
@@ -481,6 +488,10 @@ public final class FailuresEdgeTest {
                 Check.due("where 41 deep " + part[0], beyond, "6 " + at);
             }
         }
+        String turn = "PROC(INT)VOID d=(INT n)VOID:IF n>1 THEN d(n-1)ELSE FOR i FROM 1 TO 1 DO 1+1 OD FI;";
+        Check.due("a turn of 41", Check.outline(turn + deepen(40)).split(" :")[0], "6 " + turn.indexOf("FOR"));
+        Check.due("a DO of 41", Check.outline(turn + deepen(39)).split(" :")[0], "6 " + turn.indexOf("1+1"));
+        Check.due("a DO of 40", Check.outline(turn + deepen(38)).split(" :")[0], "0 -1");
         Check.failsAt(6, "PROC INT f=INT:|f;f");
         Check.failsAt(6, "PROC INT f=INT:(|f);f");
         Check.failsAt(6, "PROC(INT)INT f=(INT n)INT:f|(n);f(1)");

@@ -14,6 +14,7 @@ public final class StepsEdgeTest {
         everyLimit();
         loops();
         clauses();
+        comings();
         puts();
         unions();
         draws();
@@ -218,6 +219,17 @@ public final class StepsEdgeTest {
         Check.prints("PRINT(CASE -1 IN 1,2 OUT 3 ESAC);PRINT(CASE 2147483647 IN 1,2 OUT 3 ESAC);PRINT(CASE -2147483647-1 IN 1,2 OUT 3 ESAC)", "I3 I3 I3");
         Check.prints("PRINT(CASE 8 IN 1,2,3,4,5,6,7,8 ESAC);CASE 9 IN 1,2,3,4,5,6,7,PRINT(8)ESAC", "I8");
         Check.prints("IF TRUE THEN PRINT(1)FI;IF FALSE THEN PRINT(2)FI;IF FALSE THEN PRINT(3)ELSE PRINT(4)FI", "I1 I4");
+    }
+
+    /* What comes through several STEPS is what it was. */
+    private static void comings() {
+        Check.prints("LOC INT a:=7;LONG b=a;PRINT(b);[]LONG c=a;PRINT(c[1]);[][]INT d=a;PRINT(d[1][1]);PRINT(UPB d);PRINT(UPB d[1])", "L7 L7 I7 I1 I1");
+        Check.prints("PROC INT f=INT:3;LONG b=f;PRINT(b);[]LONG c=f;PRINT(c[1]);PRINT(f+f)", "L3 L3 I6");
+        Check.prints("LOC INT a:=7;UNION(INT,BOOL)u=a;CASE u WHEN(INT i):PRINT(i)ESAC;[]UNION(INT,BOOL)v=a;CASE v[1]WHEN(INT i):PRINT(i)ESAC", "I7 I7");
+        Check.prints("LOC REF PROC INT f:=LOC PROC INT:=INT:4;PRINT(f);LONG b=f;PRINT(b);UNION(LONG,INT)u=f;CASE u WHEN(INT i):PRINT(i)ESAC", "I4 L4 I4");
+        Check.prints("LOC[]INT a:=(1,2);[][]INT b=a;PRINT(UPB b);PRINT(b[1][2]);LOC REF[]INT c:=a;PRINT(c[2]);PRINT(UPB c)", "I1 I2 I2 I2");
+        Check.prints("PROC REF INT f=REF INT:HEAP INT:=5;PRINT(f);f:=6;INT a=f;PRINT(a)", "I5 I5");
+        Check.prints("LOC STRUCT(INT p,INT q)s:=(1,2);LOC REF STRUCT(INT p,INT q)r:=s;PRINT(q OF r);q OF r:=3;PRINT(q OF s)", "I2 I3");
     }
 
     private static void puts() {
