@@ -195,11 +195,13 @@ public final class CallsEdgeTest {
 
     /* All that can be asked for, but the text. */
     private static String state(AlgolHouse house) {
-        StringBuilder all = new StringBuilder().append(house.programs()).append(' ').append(house.fault(0)).append(' ').append(house.fault(1));
+        StringBuilder all = new StringBuilder().append(house.programs()).append(' ').append(house.fault(0)).append(' ')
+                .append(house.fault(1));
         for (int p = 0; p < house.programs(); p++) {
             all.append(" p").append(house.nodes(p));
             for (int k = 0; k < house.nodes(p); k++) {
-                all.append(' ').append(house.node(p, k, 0)).append(',').append(house.node(p, k, 1)).append(',').append(house.mode(p, k, 0));
+                all.append(' ').append(house.node(p, k, 0)).append(',').append(house.node(p, k, 1)).append(',')
+                        .append(house.mode(p, k, 0));
             }
         }
         all.append(" ran ").append(Check.told(house)).append(" of ");
@@ -226,20 +228,25 @@ public final class CallsEdgeTest {
 
     private static void nothingChanges() {
         String before = state(used());
-        List<Use> wrong = new ArrayList<>(List.of(AlgolHouse::read, h -> h.fault(2), h -> h.fault(-1), h -> h.nodes(6), h -> h.nodes(-1),
-                h -> h.node(6, 0, 0), h -> h.node(0, 99, 0), h -> h.node(0, 0, 4), h -> h.node(0, 0, -1), h -> h.step(0, 99, 0),
-                h -> h.step(6, 0, 0), h -> h.mode(0, 99, 0), h -> h.mode(6, 0, 0), h -> h.parts(0, 99, 0), h -> h.parts(6, 0, 0),
-                h -> h.one(0, 99, 0, 0), h -> h.one(0, 0, 0, 99), h -> h.one(6, 0, 0, 0), h -> h.one(0, 0, 6, 0), h -> h.meant(0, 99)));
-        wrong.addAll(List.of(h -> h.meant(6, 0), h -> h.run(6, 0, 9), h -> h.run(-1, 0, 9), h -> h.run(0, 0, 0), h -> h.run(0, 0, 3001),
-                h -> h.run(0, 0, LEAST), h -> h.run(0, 0, MOST), h -> h.number(1), h -> h.number(-1), h -> h.kind(1), h -> h.kind(-1),
-                h -> h.ran(5), h -> h.ran(-1), h -> h.orders(6, 9, 9), h -> h.orders(-1, 9, 9), h -> h.orders(0, 0, 9), h -> h.orders(0, 3001, 9)));
-        wrong.addAll(List.of(h -> h.orders(0, 9, 0), h -> h.orders(0, 9, 201), h -> h.orders(0, 9, LEAST), h -> h.outcome(2, 0), h -> h.outcome(-1, 0),
-                h -> h.outcome(0, 4), h -> h.outcome(0, -1), h -> h.outcomes(2, 0), h -> h.outcomes(-1, 0), h -> h.outcomes(0, 2), h -> h.outcomes(0, -1)));
+        List<Use> wrong = new ArrayList<>();
+        wrong.addAll(List.of(AlgolHouse::read, h -> h.fault(2), h -> h.fault(-1)));
+        wrong.addAll(List.of(h -> h.nodes(6), h -> h.nodes(-1), h -> h.node(6, 0, 0), h -> h.node(0, 99, 0)));
+        wrong.addAll(List.of(h -> h.node(0, 0, 4), h -> h.node(0, 0, -1), h -> h.step(0, 99, 0), h -> h.step(6, 0, 0)));
+        wrong.addAll(List.of(h -> h.mode(0, 99, 0), h -> h.mode(6, 0, 0), h -> h.parts(0, 99, 0), h -> h.parts(6, 0, 0)));
+        wrong.addAll(List.of(h -> h.one(0, 99, 0, 0), h -> h.one(0, 0, 0, 99), h -> h.one(6, 0, 0, 0), h -> h.one(0, 0, 6, 0)));
+        wrong.addAll(List.of(h -> h.meant(0, 99), h -> h.meant(6, 0), h -> h.run(6, 0, 9), h -> h.run(-1, 0, 9)));
+        wrong.addAll(List.of(h -> h.run(0, 0, 0), h -> h.run(0, 0, 3001), h -> h.run(0, 0, LEAST), h -> h.run(0, 0, MOST)));
+        wrong.addAll(List.of(h -> h.number(1), h -> h.number(-1), h -> h.kind(1), h -> h.kind(-1), h -> h.ran(5), h -> h.ran(-1)));
+        wrong.addAll(List.of(h -> h.orders(6, 9, 9), h -> h.orders(-1, 9, 9), h -> h.orders(0, 0, 9), h -> h.orders(0, 3001, 9)));
+        wrong.addAll(List.of(h -> h.orders(0, 9, 0), h -> h.orders(0, 9, 201), h -> h.orders(0, 9, LEAST)));
+        wrong.addAll(List.of(h -> h.outcome(2, 0), h -> h.outcome(-1, 0), h -> h.outcome(0, 4), h -> h.outcome(0, -1)));
+        wrong.addAll(List.of(h -> h.outcomes(2, 0), h -> h.outcomes(-1, 0), h -> h.outcomes(0, 2), h -> h.outcomes(0, -1)));
         for (int i = 0; i < wrong.size(); i++) {
             AlgolHouse house = used();
             Use use = wrong.get(i);
             String answer = Check.answer(() -> use.on(house));
-            Check.due("wrong call " + i + " throws", answer.equals(INDEX) || answer.equals(ARGUMENT) || answer.equals(STATE), true);
+            Check.due("wrong call " + i + " throws", answer.equals(INDEX) || answer.equals(ARGUMENT) || answer.equals(STATE),
+                    true);
             Check.due("wrong call " + i + " changes nothing", state(house), before);
             Check.due("nor the text", house.type(0), 8);
             house.clear();
@@ -262,13 +269,18 @@ public final class CallsEdgeTest {
         for (int what : new int[] {4, -1, LEAST, MOST}) {
             throwsIt("what", () -> house.node(0, 0, what), ARGUMENT);
         }
-        Check.due("within", house.node(0, 0, 2) + " " + house.node(0, 1, 2) + " " + house.node(0, 2, 2) + " " + house.node(0, 4, 2), "5 2 1 1");
-        Check.due("steps", house.node(0, 0, 3) + " " + house.node(0, 1, 3) + " " + house.node(0, 2, 3) + " " + house.node(0, 3, 3), "0 0 1 0");
+        int[] within = {5, 2, 1, 2, 1};
+        int[] steps = {0, 0, 1, 0, 0};
+        for (int k = 0; k < 5; k++) {
+            Check.due("within " + k, house.node(0, k, 2), within[k]);
+            Check.due("steps of " + k, house.node(0, k, 3), steps[k]);
+        }
         Check.due("step 0", house.step(0, 2, 0), 4);
         for (int i : new int[] {1, -1, 2, LEAST, MOST}) {
             Check.due("step " + i, house.step(0, 2, i), 0);
         }
-        Check.due("meant", house.meant(0, 4) + " " + house.meant(0, 0) + " " + house.meant(0, 1) + " " + house.meant(0, 3), "1 -1 -1 -1");
+        Check.due("meant", house.meant(0, 4) + " " + house.meant(0, 0) + " " + house.meant(0, 1) + " " + house.meant(0, 3),
+                "1 -1 -1 -1");
     }
 
     private static void walk(AlgolHouse house, int k, long walk, int mode, int parts) {
@@ -315,8 +327,11 @@ public final class CallsEdgeTest {
         walk(deep, 2, 0x112F2F2FL, 0, 0);
         walk(deep, 2, 0x912F2F2FL, -1, -1);
         walk(deep, 2, 0x2F2F2F2FL | 0x80000000L, -1, -1);
-        Check.due("eight parts", deep.mode(1, 3, 0x11111111) + " " + deep.mode(1, 3, 0xF1111111) + " " + deep.mode(1, 3, 0x80000000)
-                + " " + deep.mode(1, 3, 0x1111111), "0 0 0 4");
+        int[] eight = {0x11111111, 0xF1111111, 0x80000000, 0x10000000, 0x1111111, 0xF111111};
+        int[] kinds = {0, 0, 0, 0, 4, 4};
+        for (int i = 0; i < eight.length; i++) {
+            Check.due("eight parts " + i, deep.mode(1, 3, eight[i]), kinds[i]);
+        }
         AlgolHouse none = house("UNION(INT,BOOL)u=1;u;SKIP");
         walk(none, 3, 0, 8, 2);
         walk(none, 3, 1, -1, -1);
@@ -386,7 +401,8 @@ public final class CallsEdgeTest {
     private static String all(AlgolHouse house, int count) {
         StringBuilder all = new StringBuilder().append(count);
         for (int i = 0; i < count; i++) {
-            all.append(" |").append(house.outcome(i, 0)).append(' ').append(house.outcome(i, 1)).append(" x").append(house.outcome(i, 3)).append(':');
+            all.append(" |").append(house.outcome(i, 0)).append(' ').append(house.outcome(i, 1)).append(" x")
+                    .append(house.outcome(i, 3)).append(':');
             for (int j = 0; j < house.outcome(i, 2); j++) {
                 all.append(' ').append(house.outcomes(i, j));
             }
@@ -454,14 +470,16 @@ public final class CallsEdgeTest {
         Check.due("12 outcomes", twelve.orders(0, 99, 24), 12);
         Check.due("each twice", twelve.outcome(0, 3) + " " + twelve.outcome(11, 3), "2 2");
         throwsIt("a 13th", () -> twelve.outcome(12, 0), INDEX);
-        AlgolHouse just = house("LOC BOOL b:=FALSE;PROC INT s=INT:(b:=TRUE;1);INT q=IF b THEN 1/0 ELSE 1 FI+s;[]INT a=(" + String.join(",", wide) + ");1");
+        AlgolHouse just = house("LOC BOOL b:=FALSE;PROC INT s=INT:(b:=TRUE;1);INT q=IF b THEN 1/0 ELSE 1 FI+s;"
+                + "[]INT a=(" + String.join(",", wide) + ");1");
         Check.due("13 outcomes", just.orders(0, 999, 200), -1);
         AlgolHouse thirteen = house("[]INT a=((PRINT(1);1),(PRINT(2);1),(PRINT(3);1),(PRINT(4);1));1");
         Check.due("more than 12", thirteen.orders(0, 99, 24), -1);
     }
 
     private static void outcomesStay() {
-        AlgolHouse house = house("(PRINT(1);1)+(PRINT(2);2)", "[]INT a=(1,2,3);1", "[]INT a=((PRINT(1);1),(PRINT(2);1),(PRINT(3);1),(PRINT(4);1));1");
+        AlgolHouse house = house("(PRINT(1);1)+(PRINT(2);2)", "[]INT a=(1,2,3);1",
+                "[]INT a=((PRINT(1);1),(PRINT(2);1),(PRINT(3);1),(PRINT(4);1));1");
         throwsIt("none yet", () -> house.outcome(0, 0), INDEX);
         Check.due("too many at first", house.orders(0, 99, 1), -1);
         throwsIt("still none", () -> house.outcome(0, 0), INDEX);

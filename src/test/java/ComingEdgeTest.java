@@ -197,20 +197,23 @@ public final class ComingEdgeTest {
     }
 
     private static void strong() {
-        String[][] table = {{"INT", "INT", ""}, {"INT", "LONG", "4"}, {"INT", "BOOL", "-"}, {"LONG", "INT", "-"}, {"BOOL", "INT", "-"},
-            {"LONG", "LONG", ""}, {"REF INT", "INT", "2"}, {"REF INT", "LONG", "24"}, {"REF LONG", "INT", "-"}, {"REF REF INT", "INT", "22"},
-            {"REF REF INT", "REF INT", "2"}, {"REF INT", "REF REF INT", "-"}, {"REF INT", "REF LONG", "-"}, {"PROC INT", "INT", "1"},
-            {"PROC INT", "LONG", "14"}, {"PROC INT", "PROC INT", ""}, {"PROC INT", "PROC LONG", "-"}, {"REF PROC INT", "INT", "21"},
+        String[][] table = {{"INT", "INT", ""}, {"INT", "LONG", "4"}, {"INT", "BOOL", "-"}, {"LONG", "INT", "-"},
+            {"BOOL", "INT", "-"}, {"LONG", "LONG", ""}, {"REF INT", "INT", "2"}, {"REF INT", "LONG", "24"},
+            {"REF LONG", "INT", "-"}, {"REF REF INT", "INT", "22"}, {"REF REF INT", "REF INT", "2"},
+            {"REF INT", "REF REF INT", "-"}, {"REF INT", "REF LONG", "-"}, {"PROC INT", "INT", "1"}, {"PROC INT", "LONG", "14"},
+            {"PROC INT", "PROC INT", ""}, {"PROC INT", "PROC LONG", "-"}, {"REF PROC INT", "INT", "21"},
             {"PROC REF INT", "INT", "12"}, {"PROC PROC INT", "INT", "11"}, {"PROC(INT)INT", "INT", "-"}, {"INT", "REF INT", "-"},
-            {"INT", "PROC INT", "-"}, {"INT", "[]INT", "5"}, {"INT", "[][]INT", "55"}, {"INT", "[]LONG", "45"}, {"INT", "[]BOOL", "-"},
-            {"[]INT", "[]LONG", "-"}, {"[]INT", "[][]INT", "5"}, {"[]INT", "INT", "-"}, {"REF INT", "[]INT", "25"},
-            {"REF INT", "[][]LONG", "2455"}, {"REF INT", "[]REF INT", "5"}, {"REF[]INT", "[]INT", "2"}, {"REF[]INT", "[][]INT", "25"},
-            {"PROC[]INT", "[]INT", "1"}, {"INT", "UNION(INT,BOOL)", "3"}, {"LONG", "UNION(INT,BOOL)", "-"}, {"INT", "UNION(LONG,BOOL)", "-"},
-            {"REF INT", "UNION(INT,BOOL)", "23"}, {"REF INT", "UNION(REF INT,BOOL)", "3"}, {"REF REF INT", "UNION(REF INT,BOOL)", "23"},
-            {"PROC INT", "UNION(INT,BOOL)", "13"}, {"UNION(INT,BOOL)", "UNION(LONG,BOOL,INT)", "3"},
-            {"UNION(INT,BOOL)", "UNION(INT,LONG)", "-"}, {"UNION(INT,BOOL,LONG)", "UNION(INT,LONG)", "-"},
-            {"UNION(INT,BOOL)", "UNION(BOOL,INT)", ""}, {"REF UNION(INT,BOOL)", "UNION(INT,LONG,BOOL)", "23"},
-            {"UNION(INT,BOOL)", "INT", "-"}, {"INT", "[]UNION(INT,BOOL)", "35"}, {"UNION(INT,BOOL)", "[]UNION(INT,LONG,BOOL)", "35"},
+            {"INT", "PROC INT", "-"}, {"INT", "[]INT", "5"}, {"INT", "[][]INT", "55"}, {"INT", "[]LONG", "45"},
+            {"INT", "[]BOOL", "-"}, {"[]INT", "[]LONG", "-"}, {"[]INT", "[][]INT", "5"}, {"[]INT", "INT", "-"},
+            {"REF INT", "[]INT", "25"}, {"REF INT", "[][]LONG", "2455"}, {"REF INT", "[]REF INT", "5"},
+            {"REF[]INT", "[]INT", "2"}, {"REF[]INT", "[][]INT", "25"}, {"PROC[]INT", "[]INT", "1"},
+            {"INT", "UNION(INT,BOOL)", "3"}, {"LONG", "UNION(INT,BOOL)", "-"}, {"INT", "UNION(LONG,BOOL)", "-"},
+            {"REF INT", "UNION(INT,BOOL)", "23"}, {"REF INT", "UNION(REF INT,BOOL)", "3"},
+            {"REF REF INT", "UNION(REF INT,BOOL)", "23"}, {"PROC INT", "UNION(INT,BOOL)", "13"},
+            {"UNION(INT,BOOL)", "UNION(LONG,BOOL,INT)", "3"}, {"UNION(INT,BOOL)", "UNION(INT,LONG)", "-"},
+            {"UNION(INT,BOOL,LONG)", "UNION(INT,LONG)", "-"}, {"UNION(INT,BOOL)", "UNION(BOOL,INT)", ""},
+            {"REF UNION(INT,BOOL)", "UNION(INT,LONG,BOOL)", "23"}, {"UNION(INT,BOOL)", "INT", "-"},
+            {"INT", "[]UNION(INT,BOOL)", "35"}, {"UNION(INT,BOOL)", "[]UNION(INT,LONG,BOOL)", "35"},
             {"INT", "UNION([]INT,BOOL)", "-"}, {"INT", "UNION(INT,[]INT)", "3"}, {"[]INT", "UNION(INT,[]INT)", "3"},
             {"STRUCT(INT a)", "INT", "-"}, {"STRUCT(INT a)", "STRUCT(INT b)", "-"}, {"REF STRUCT(INT a)", "STRUCT(INT a)", "2"},
             {"STRUCT(INT a)", "[]STRUCT(INT a)", "5"}, {"BOOL", "[]BOOL", "5"}, {"REF PROC REF INT", "LONG", "2124"}};
@@ -231,7 +234,8 @@ public final class ComingEdgeTest {
         String[][] table = {{"INT", "6"}, {"REF INT", "6"}, {"PROC INT", "16"}, {"PROC VOID", "1"}, {"REF PROC VOID", "21"},
             {"REF REF PROC VOID", "221"}, {"REF PROC INT", "6"}, {"PROC REF INT", "16"}, {"PROC PROC INT", "116"},
             {"PROC PROC VOID", "11"}, {"PROC REF PROC VOID", "121"}, {"PROC REF PROC INT", "16"}, {"PROC(INT)VOID", "6"},
-            {"REF PROC(INT)VOID", "6"}, {"PROC PROC(INT)VOID", "16"}, {"UNION(INT,BOOL)", "6"}, {"[]INT", "6"}, {"STRUCT(INT a)", "6"}};
+            {"REF PROC(INT)VOID", "6"}, {"PROC PROC(INT)VOID", "16"}, {"UNION(INT,BOOL)", "6"}, {"[]INT", "6"},
+            {"STRUCT(INT a)", "6"}};
         for (String[] row : table) {
             steps(TAG, row[0] + " x=SKIP;|x;1", row[1]);
             steps(TAG, row[0] + " x=SKIP;1;|x", row[1]);
@@ -265,9 +269,9 @@ public final class ComingEdgeTest {
             {"REF INT", "REF INT", ""}, {"REF REF INT", "REF INT", "2"}, {"PROC INT", "INT", "1"}, {"REF PROC INT", "INT", "21"},
             {"PROC INT", "PROC INT", ""}, {"PROC(INT)INT", "INT", "-"}, {"INT", "[]INT", "-"}, {"REF[]INT", "[]INT", "2"},
             {"[]INT", "[][]INT", "-"}, {"INT", "UNION(INT,BOOL)", "3"}, {"REF INT", "UNION(INT,BOOL)", "23"},
-            {"REF INT", "UNION(REF INT,BOOL)", "3"}, {"UNION(INT,BOOL)", "UNION(INT,BOOL,LONG)", "3"}, {"INT", "UNION(LONG,BOOL)", "-"},
-            {"UNION(INT,BOOL,LONG)", "UNION(INT,BOOL)", "-"}, {"BOOL", "INT", "-"}, {"INT", "REF INT", "-"},
-            {"STRUCT(INT a)", "STRUCT(INT a)", ""}, {"STRUCT(INT a)", "STRUCT(INT b)", "-"}};
+            {"REF INT", "UNION(REF INT,BOOL)", "3"}, {"UNION(INT,BOOL)", "UNION(INT,BOOL,LONG)", "3"},
+            {"INT", "UNION(LONG,BOOL)", "-"}, {"UNION(INT,BOOL,LONG)", "UNION(INT,BOOL)", "-"}, {"BOOL", "INT", "-"},
+            {"INT", "REF INT", "-"}, {"STRUCT(INT a)", "STRUCT(INT a)", ""}, {"STRUCT(INT a)", "STRUCT(INT b)", "-"}};
         for (String[] row : table) {
             comesFirm(row[0], row[1], row[2]);
         }
@@ -283,19 +287,20 @@ public final class ComingEdgeTest {
 
     /* Each place that is MEEK to INT, with a # where it is. */
     private static final String[] INT_PLACES = {"LOC[#:1]INT;1", "LOC[1:#]INT;1", "HEAP[#:1]INT;1", "LOC[#:1]INT v;1",
-        "LOC[1:#]INT v;1", "[]INT r=1;r[#];1", "[]INT r=1;r[#:1];1", "[]INT r=1;r[1:#];1", "CASE # IN 1,2 ESAC;1", "FROM # DO 1 OD;1",
-        "BY # DO 1 OD;1", "TO # DO 1 OD;1", "FOR i FROM 1 BY # TO 2 DO 1 OD;1"};
+        "LOC[1:#]INT v;1", "[]INT r=1;r[#];1", "[]INT r=1;r[#:1];1", "[]INT r=1;r[1:#];1", "CASE # IN 1,2 ESAC;1",
+        "FROM # DO 1 OD;1", "BY # DO 1 OD;1", "TO # DO 1 OD;1", "FOR i FROM 1 BY # TO 2 DO 1 OD;1"};
 
     private static void meek() {
-        String[][] toInt = {{"INT", ""}, {"REF INT", "2"}, {"PROC INT", "1"}, {"REF PROC REF INT", "212"}, {"PROC PROC INT", "11"}, {"LONG", "-"},
-            {"BOOL", "-"}, {"[]INT", "-"}, {"UNION(INT,BOOL)", "-"}, {"PROC(INT)INT", "-"}, {"REF LONG", "-"}, {"STRUCT(INT a)", "-"}};
+        String[][] toInt = {{"INT", ""}, {"REF INT", "2"}, {"PROC INT", "1"}, {"REF PROC REF INT", "212"},
+            {"PROC PROC INT", "11"}, {"LONG", "-"}, {"BOOL", "-"}, {"[]INT", "-"}, {"UNION(INT,BOOL)", "-"},
+            {"PROC(INT)INT", "-"}, {"REF LONG", "-"}, {"STRUCT(INT a)", "-"}};
         for (String place : INT_PLACES) {
             for (String[] row : toInt) {
                 meekly(row[0], place, row[1]);
             }
         }
-        String[][] toBool = {{"BOOL", ""}, {"REF BOOL", "2"}, {"PROC BOOL", "1"}, {"REF PROC BOOL", "21"}, {"INT", "-"}, {"LONG", "-"},
-            {"[]BOOL", "-"}, {"UNION(INT,BOOL)", "-"}};
+        String[][] toBool = {{"BOOL", ""}, {"REF BOOL", "2"}, {"PROC BOOL", "1"}, {"REF PROC BOOL", "21"}, {"INT", "-"},
+            {"LONG", "-"}, {"[]BOOL", "-"}, {"UNION(INT,BOOL)", "-"}};
         for (String[] row : toBool) {
             meekly(row[0], "IF # THEN 1 FI;1", row[1]);
             meekly(row[0], "WHILE # DO 1 OD;1", row[1]);
@@ -306,8 +311,8 @@ public final class ComingEdgeTest {
         for (String[] row : toUnion) {
             meekly(row[0], "CASE # WHEN(INT i):1 ESAC;1", row[1]);
         }
-        String[][] toProc = {{"PROC(INT)INT", ""}, {"REF PROC(INT)INT", "2"}, {"PROC PROC(INT)INT", "1"}, {"REF PROC REF PROC(INT)INT", "212"},
-            {"PROC INT", "-"}, {"INT", "-"}, {"[]PROC(INT)INT", "-"}};
+        String[][] toProc = {{"PROC(INT)INT", ""}, {"REF PROC(INT)INT", "2"}, {"PROC PROC(INT)INT", "1"},
+            {"REF PROC REF PROC(INT)INT", "212"}, {"PROC INT", "-"}, {"INT", "-"}, {"[]PROC(INT)INT", "-"}};
         for (String[] row : toProc) {
             meekly(row[0], "#(1);1", row[1]);
         }
@@ -335,26 +340,26 @@ public final class ComingEdgeTest {
     }
 
     private static void weak() {
-        String[][] rows = {{"[]INT", "", "0"}, {"REF[]INT", "", "4"}, {"REF REF[]INT", "2", "4"}, {"PROC REF[]INT", "1", "4"}, {"PROC[]INT", "1", "0"},
-            {"REF PROC[]INT", "21", "0"}, {"REF PROC REF[]INT", "21", "4"}, {"INT", "-", ""}, {"REF INT", "-", ""},
-            {"STRUCT(INT a)", "-", ""}, {"PROC(INT)[]INT", "-", ""}, {"UNION([]INT,INT)", "-", ""}};
+        String[][] rows = {{"[]INT", "", "0"}, {"REF[]INT", "", "4"}, {"REF REF[]INT", "2", "4"}, {"PROC REF[]INT", "1", "4"},
+            {"PROC[]INT", "1", "0"}, {"REF PROC[]INT", "21", "0"}, {"REF PROC REF[]INT", "21", "4"}, {"INT", "-", ""},
+            {"REF INT", "-", ""}, {"STRUCT(INT a)", "-", ""}, {"PROC(INT)[]INT", "-", ""}, {"UNION([]INT,INT)", "-", ""}};
         for (String[] row : rows) {
-            weakly(row[0], row[1], "#[1];1", "|x", row[2].equals("4") ? "4 21" : "0 21");
-            weakly(row[0], row[1], "#[1:1];1", "|x", "6 22");
-            weakly(row[0], row[1], "LWB #;1", "|x", "0 12");
-            weakly(row[0], row[1], "UPB #;1", "|x", "0 12");
+            weakly(row[0], row[1], "#[1];1", row[2].equals("4") ? "4 21" : "0 21");
+            weakly(row[0], row[1], "#[1:1];1", "6 22");
+            weakly(row[0], row[1], "LWB #;1", "0 12");
+            weakly(row[0], row[1], "UPB #;1", "0 12");
         }
         String[][] structs = {{"STRUCT(INT p)", "", "0"}, {"REF STRUCT(INT p)", "", "4"}, {"REF REF STRUCT(INT p)", "2", "4"},
-            {"PROC STRUCT(INT p)", "1", "0"}, {"PROC REF STRUCT(INT p)", "1", "4"}, {"REF PROC STRUCT(INT p)", "21", "0"}, {"INT", "-", ""},
-            {"[]STRUCT(INT p)", "-", ""}, {"UNION(INT,STRUCT(INT p))", "-", ""}};
+            {"PROC STRUCT(INT p)", "1", "0"}, {"PROC REF STRUCT(INT p)", "1", "4"}, {"REF PROC STRUCT(INT p)", "21", "0"},
+            {"INT", "-", ""}, {"[]STRUCT(INT p)", "-", ""}, {"UNION(INT,STRUCT(INT p))", "-", ""}};
         for (String[] row : structs) {
-            weakly(row[0], row[1], "p OF #;1", "|x", row[2] + " 13");
+            weakly(row[0], row[1], "p OF #;1", row[2] + " 13");
         }
     }
 
     /* STEPS of what is sliced, and the mode and kind of the whole. */
-    private static void weakly(String from, String want, String place, String marked, String whole) {
-        String text = from + " x=SKIP;" + place.replace("#", marked);
+    private static void weakly(String from, String want, String place, String whole) {
+        String text = from + " x=SKIP;" + place.replace("#", "|x");
         if (want.equals("-")) {
             Check.faultyAt(5, text);
             return;
@@ -366,9 +371,9 @@ public final class ComingEdgeTest {
     }
 
     private static void soft() {
-        String[][] table = {{"REF INT", "", "1"}, {"REF REF INT", "", "NIL"}, {"PROC REF INT", "1", "1"}, {"PROC PROC REF INT", "11", "1"},
-            {"REF PROC REF INT", "", "REF INT:NIL"}, {"INT", "-", "1"}, {"PROC INT", "-", "1"}, {"PROC(INT)REF INT", "-", "1"},
-            {"[]REF INT", "-", "1"}, {"UNION(REF INT,BOOL)", "-", "1"}};
+        String[][] table = {{"REF INT", "", "1"}, {"REF REF INT", "", "NIL"}, {"PROC REF INT", "1", "1"},
+            {"PROC PROC REF INT", "11", "1"}, {"REF PROC REF INT", "", "REF INT:NIL"}, {"INT", "-", "1"}, {"PROC INT", "-", "1"},
+            {"PROC(INT)REF INT", "-", "1"}, {"[]REF INT", "-", "1"}, {"UNION(REF INT,BOOL)", "-", "1"}};
         for (String[] row : table) {
             String text = row[0] + " x=SKIP;|x:=" + row[2] + ";1";
             if (row[1].equals("-")) {
@@ -422,8 +427,8 @@ public final class ComingEdgeTest {
     /* A form in a place that is STRONG to a mode: the mark is where it can't come, none if it can. */
     private static void formIs(String mode, String form, boolean comes) {
         String[] around = {"# y=@;1", "LOC # y:=@;1", "LOC # y;y:=@", "#:@", "#(@)", "#(1;@)", "PROC(#)INT f=SKIP;f(@)",
-            "PROC(INT,#)INT f=SKIP;f(1,@)", "# y=IF TRUE THEN @ FI;1", "# y=IF TRUE THEN SKIP ELSE 1;@ FI;1", "# y=CASE 1 IN @,SKIP ESAC;1",
-            "# y=CASE 1 IN SKIP,@ ESAC;1", "# y=CASE 1 IN SKIP,SKIP OUT @ ESAC;1", "# y=((@));1",
+            "PROC(INT,#)INT f=SKIP;f(1,@)", "# y=IF TRUE THEN @ FI;1", "# y=IF TRUE THEN SKIP ELSE 1;@ FI;1",
+            "# y=CASE 1 IN @,SKIP ESAC;1", "# y=CASE 1 IN SKIP,@ ESAC;1", "# y=CASE 1 IN SKIP,SKIP OUT @ ESAC;1", "# y=((@));1",
             "# y=CASE UNION(INT,BOOL)(1)WHEN(INT i):@ ESAC;1", "# y=CASE UNION(INT,BOOL)(1)WHEN(INT i):SKIP OUT @ ESAC;1",
             "STRUCT(INT v,# w)y=(1,@);1", "[]# y=(SKIP,@);1"};
         for (String part : around) {
@@ -437,8 +442,8 @@ public final class ComingEdgeTest {
     }
 
     private static void nothingStrong() {
-        String[] modes = {"INT", "BOOL", "LONG", "REF INT", "PROC INT", "PROC(INT)INT", "[]INT", "STRUCT(INT p,BOOL q)", "UNION(INT,REF BOOL)",
-            "[]REF INT", "REF[]INT"};
+        String[] modes = {"INT", "BOOL", "LONG", "REF INT", "PROC INT", "PROC(INT)INT", "[]INT", "STRUCT(INT p,BOOL q)",
+            "UNION(INT,REF BOOL)", "[]REF INT", "REF[]INT"};
         for (String mode : modes) {
             formIs(mode, "SKIP", true);
             formIs(mode, "NIL", mode.startsWith("REF"));
@@ -474,13 +479,16 @@ public final class ComingEdgeTest {
 
     /* Places that are FIRM, MEEK, WEAK or SOFT: what has no mode can't come there, and is told at itself. */
     private static void nothingElse() {
-        String[] enclosed = {"1+@", "@+1", "-@", "~@", "Q @", "LWB @", "UPB @", "p OF @", "@[1]", "@[1:1]", "@(1)", "@:=1", "@(x)", "@:=x", "@+x"};
-        String[] units = {"[]INT r=1;r[@]", "[]INT r=1;r[@:1]", "[]INT r=1;r[1:@]", "LOC[@:1]INT;1", "LOC[1:@]INT;1", "LOC[@:1]INT v;1",
-            "FROM @ DO 1 OD", "BY @ DO 1 OD", "TO @ DO 1 OD", "PRINT(@)", "[]INT r=1;r[@:x]", "FROM @ TO x DO 1 OD"};
-        String[] serials = {"CASE @ IN 1,2 ESAC", "IF @ THEN 1 FI", "WHILE @ DO 1 OD", "CASE @ WHEN(INT i):1 ESAC", "IF @ THEN x FI"};
+        String[] enclosed = {"1+@", "@+1", "-@", "~@", "Q @", "LWB @", "UPB @", "p OF @", "@[1]", "@[1:1]", "@(1)", "@:=1",
+            "@(x)", "@:=x", "@+x"};
+        String[] units = {"[]INT r=1;r[@]", "[]INT r=1;r[@:1]", "[]INT r=1;r[1:@]", "LOC[@:1]INT;1", "LOC[1:@]INT;1",
+            "LOC[@:1]INT v;1", "FROM @ DO 1 OD", "BY @ DO 1 OD", "TO @ DO 1 OD", "PRINT(@)", "[]INT r=1;r[@:x]",
+            "FROM @ TO x DO 1 OD"};
+        String[] serials = {"CASE @ IN 1,2 ESAC", "IF @ THEN 1 FI", "WHILE @ DO 1 OD", "CASE @ WHEN(INT i):1 ESAC",
+            "IF @ THEN x FI"};
         String[] clauses = {"(|SKIP)", "(|NIL)", "|(1,2)", "|()", "(|(1,2))", "(|1;SKIP)", "(|SKIP;NIL)", "|IF TRUE THEN SKIP FI",
-            "|IF TRUE THEN SKIP ELSE NIL FI", "|IF TRUE THEN(1;NIL)ELSE(1,2)FI", "|CASE 1 IN SKIP,NIL ESAC", "|CASE 1 IN SKIP,NIL OUT(1,2)ESAC",
-            "|CASE UNION(INT,BOOL)(1)WHEN(INT i):SKIP ESAC", "(|BEGIN SKIP END)"};
+            "|IF TRUE THEN SKIP ELSE NIL FI", "|IF TRUE THEN(1;NIL)ELSE(1,2)FI", "|CASE 1 IN SKIP,NIL ESAC",
+            "|CASE 1 IN SKIP,NIL OUT(1,2)ESAC", "|CASE UNION(INT,BOOL)(1)WHEN(INT i):SKIP ESAC", "(|BEGIN SKIP END)"};
         for (String clause : clauses) {
             for (String part : enclosed) {
                 Check.faultyAt(5, part.replace("@", clause));

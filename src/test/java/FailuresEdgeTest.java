@@ -28,32 +28,37 @@ public final class FailuresEdgeTest {
         sizesOfSteps();
         elements();
         depths();
+        tooDeep();
         printed();
         Check.end();
     }
 
     private static void undefined() {
-        String[] operands = {"INT u=SKIP;u|+1", "INT u=SKIP;1|+u", "INT u=SKIP;u|-u", "INT u=SKIP;u|*0", "INT u=SKIP;1|/u", "INT u=SKIP;u|%1",
-            "INT u=SKIP;u|=1", "INT u=SKIP;1|/=u", "INT u=SKIP;u|<1", "INT u=SKIP;1|<=u", "INT u=SKIP;u|>1", "INT u=SKIP;1|>=u", "INT u=SKIP;u|/0",
-            "LONG u=SKIP;u|+LONG 1", "LONG u=SKIP;LONG 1|<u", "BOOL u=SKIP;u|=TRUE", "BOOL u=SKIP;FALSE|&u", "BOOL u=SKIP;TRUE|!u",
-            "BOOL u=SKIP;u|&FALSE", "INT u=SKIP;|-u", "INT u=SKIP;|+u", "LONG u=SKIP;|-u", "BOOL u=SKIP;|~u", "INT u=SKIP;|LENG u",
-            "LONG u=SKIP;|SHORTEN u"};
+        String[] operands = {"INT u=SKIP;u|+1", "INT u=SKIP;1|+u", "INT u=SKIP;u|-u", "INT u=SKIP;u|*0", "INT u=SKIP;1|/u",
+            "INT u=SKIP;u|%1", "INT u=SKIP;u|=1", "INT u=SKIP;1|/=u", "INT u=SKIP;u|<1", "INT u=SKIP;1|<=u", "INT u=SKIP;u|>1",
+            "INT u=SKIP;1|>=u", "INT u=SKIP;u|/0", "LONG u=SKIP;u|+LONG 1", "LONG u=SKIP;LONG 1|<u", "BOOL u=SKIP;u|=TRUE",
+            "BOOL u=SKIP;FALSE|&u", "BOOL u=SKIP;TRUE|!u", "BOOL u=SKIP;u|&FALSE", "INT u=SKIP;|-u", "INT u=SKIP;|+u",
+            "LONG u=SKIP;|-u", "BOOL u=SKIP;|~u", "INT u=SKIP;|LENG u", "LONG u=SKIP;|SHORTEN u"};
         for (String marked : operands) {
             Check.failsAt(1, marked);
         }
         String[] used = {"INT u=SKIP;[]INT r=1;r|[u]", "INT u=SKIP;LOC[1:2]INT r;r|[u]", "INT u=SKIP;[]INT r=1;r|[u:1]",
-            "INT u=SKIP;[]INT r=1;r|[1:u]", "INT u=SKIP;LOC[1:2]INT r;r|[u:1]", "INT u=SKIP;LOC[1:2]INT r;r|[1:u]", "INT u=SKIP;|LOC[u:1]INT;1",
-            "INT u=SKIP;|LOC[1:u]INT;1", "INT u=SKIP;|HEAP[u:1]INT v;1", "INT u=SKIP;|LOC[1:u]INT v:=SKIP;1", "INT u=SKIP;|FROM u DO 1 OD",
-            "INT u=SKIP;|BY u TO 0 DO 1 OD", "INT u=SKIP;|TO u DO 1 OD", "INT u=SKIP;|FROM 1 BY 1 TO u DO 1 OD", "BOOL u=SKIP;|IF u THEN 1 FI",
+            "INT u=SKIP;[]INT r=1;r|[1:u]", "INT u=SKIP;LOC[1:2]INT r;r|[u:1]", "INT u=SKIP;LOC[1:2]INT r;r|[1:u]",
+            "INT u=SKIP;|LOC[u:1]INT;1", "INT u=SKIP;|LOC[1:u]INT;1", "INT u=SKIP;|HEAP[u:1]INT v;1",
+            "INT u=SKIP;|LOC[1:u]INT v:=SKIP;1", "INT u=SKIP;|FROM u DO 1 OD", "INT u=SKIP;|BY u TO 0 DO 1 OD",
+            "INT u=SKIP;|TO u DO 1 OD", "INT u=SKIP;|FROM 1 BY 1 TO u DO 1 OD", "BOOL u=SKIP;|IF u THEN 1 FI",
             "BOOL u=SKIP;|WHILE u DO 1 OD", "INT u=SKIP;|CASE u IN 1,2 ESAC", "INT u=SKIP;|CASE u IN 1,2 OUT 3 ESAC",
-            "UNION(INT,BOOL)u=SKIP;|CASE u WHEN(INT i):1 ESAC", "UNION(INT,BOOL)u=SKIP;|CASE u WHEN(INT i):1 OUT 2 ESAC", "INT u=SKIP;|PRINT(u)",
-            "LONG u=SKIP;|PRINT(u)", "BOOL u=SKIP;|PRINT(u)", "PROC(INT)INT u=SKIP;u|(1)", "PROC INT u=SKIP;INT v=|u;1", "PROC VOID u=SKIP;|u;1",
-            "REF INT u=SKIP;INT v=|u;1", "REF INT u=SKIP;PRINT(|u)", "REF REF INT u=SKIP;REF INT v=|u;1", "STRUCT(INT p)u=SKIP;|p OF u",
-            "REF STRUCT(INT p)u=SKIP;|p OF u", "[]INT u=SKIP;u|[1]", "REF[]INT u=SKIP;u|[1]", "[]INT u=SKIP;u|[1:1]", "REF[]INT u=SKIP;u|[1:1]",
-            "[]INT u=SKIP;u|[2:1]", "[]INT u=SKIP;|LWB u", "[]INT u=SKIP;|UPB u", "REF[]INT u=SKIP;|LWB u", "REF[]INT u=SKIP;|UPB u",
-            "REF INT u=SKIP;u|:=1", "REF INT u=SKIP;REF INT v=LOC INT;u |IS v", "REF INT u=SKIP;REF INT v=LOC INT;v |ISNT u", "REF INT u=SKIP;u |IS u",
-            "REF INT u=SKIP;NIL |IS u", "LOC[1:2]INT u:=SKIP;u|[1]", "LOC[1:2]INT u:=SKIP;u|[1:1]", "LOC[1:2]INT u:=SKIP;|UPB u",
-            "LOC[1:2]INT u:=SKIP;|LWB u", "LOC STRUCT([]INT p)u:=SKIP;(p OF u)|[1]", "LOC REF INT u;INT v=|u;1", "LOC REF STRUCT(INT p)u;|p OF u"};
+            "UNION(INT,BOOL)u=SKIP;|CASE u WHEN(INT i):1 ESAC", "UNION(INT,BOOL)u=SKIP;|CASE u WHEN(INT i):1 OUT 2 ESAC",
+            "INT u=SKIP;|PRINT(u)", "LONG u=SKIP;|PRINT(u)", "BOOL u=SKIP;|PRINT(u)", "PROC(INT)INT u=SKIP;u|(1)",
+            "PROC INT u=SKIP;INT v=|u;1", "PROC VOID u=SKIP;|u;1", "REF INT u=SKIP;INT v=|u;1", "REF INT u=SKIP;PRINT(|u)",
+            "REF REF INT u=SKIP;REF INT v=|u;1", "STRUCT(INT p)u=SKIP;|p OF u", "REF STRUCT(INT p)u=SKIP;|p OF u",
+            "[]INT u=SKIP;u|[1]", "REF[]INT u=SKIP;u|[1]", "[]INT u=SKIP;u|[1:1]", "REF[]INT u=SKIP;u|[1:1]",
+            "[]INT u=SKIP;u|[2:1]", "[]INT u=SKIP;|LWB u", "[]INT u=SKIP;|UPB u", "REF[]INT u=SKIP;|LWB u",
+            "REF[]INT u=SKIP;|UPB u", "REF INT u=SKIP;u|:=1", "REF INT u=SKIP;REF INT v=LOC INT;u |IS v",
+            "REF INT u=SKIP;REF INT v=LOC INT;v |ISNT u", "REF INT u=SKIP;u |IS u", "REF INT u=SKIP;NIL |IS u",
+            "LOC[1:2]INT u:=SKIP;u|[1]", "LOC[1:2]INT u:=SKIP;u|[1:1]", "LOC[1:2]INT u:=SKIP;|UPB u",
+            "LOC[1:2]INT u:=SKIP;|LWB u", "LOC STRUCT([]INT p)u:=SKIP;(p OF u)|[1]", "LOC REF INT u;INT v=|u;1",
+            "LOC REF STRUCT(INT p)u;|p OF u"};
         for (String marked : used) {
             Check.failsAt(1, marked);
         }
@@ -85,7 +90,8 @@ public final class FailuresEdgeTest {
     private static void undefinedButRight() {
         Check.prints("INT u=SKIP;INT v=u;LOC INT w:=u;w:=v;u;PROC(INT)INT f=(INT n)INT:(n;1);PRINT(f(u))", "I1");
         Check.prints("OP +=(INT a,INT b)INT:3;INT u=SKIP;PRINT(u+u)", "I3");
-        Check.prints("LOC INT u;INT v=u;LOC STRUCT(INT p,INT q)s;STRUCT(INT p,INT q)t=s;LOC STRUCT(INT p,INT q)r:=t;r:=s;PRINT(1)", "I1");
+        Check.prints("LOC INT u;INT v=u;LOC STRUCT(INT p,INT q)s;STRUCT(INT p,INT q)t=s;LOC STRUCT(INT p,INT q)r:=t;r:=s;"
+                + "PRINT(1)", "I1");
         Check.prints("INT u=SKIP;[]INT r=(u,u);PRINT(UPB r);[]INT q=u;PRINT(UPB q);[]INT p=r[1:1];PRINT(UPB p)", "I2 I1 I1");
         Check.prints("UNION(INT,BOOL)u=INT(SKIP);PRINT(CASE u WHEN(BOOL b):1,(INT i):2 ESAC)", "I2");
         Check.prints("UNION(INT,LONG,BOOL)u=1;PRINT(CASE u WHEN(INT i):i ESAC)", "I1");
@@ -111,15 +117,18 @@ public final class FailuresEdgeTest {
     }
 
     private static void nil() {
-        String[] used = {"REF INT n=NIL;INT v=|n;1", "REF INT n=NIL;PRINT(|n)", "REF INT n=NIL;|n+1", "REF REF INT n=NIL;INT v=|n;1",
-            "LOC REF INT n:=NIL;INT v=|n;1", "REF STRUCT(INT p)n=NIL;|p OF n", "REF[]INT n=NIL;n|[1]", "REF[]INT n=NIL;n|[1:1]",
-            "REF[]INT n=NIL;n|[2:1]", "REF[]INT n=NIL;|LWB n", "REF[]INT n=NIL;|UPB n", "REF INT n=NIL;n|:=1", "REF INT n=NIL;n|:=SKIP",
-            "REF REF INT n=NIL;n|:=NIL", "REF STRUCT(INT p)n=NIL;STRUCT(INT p)v=|n;1"};
+        String[] used = {"REF INT n=NIL;INT v=|n;1", "REF INT n=NIL;PRINT(|n)", "REF INT n=NIL;|n+1",
+            "REF REF INT n=NIL;INT v=|n;1", "LOC REF INT n:=NIL;INT v=|n;1", "REF STRUCT(INT p)n=NIL;|p OF n",
+            "REF[]INT n=NIL;n|[1]", "REF[]INT n=NIL;n|[1:1]", "REF[]INT n=NIL;n|[2:1]", "REF[]INT n=NIL;|LWB n",
+            "REF[]INT n=NIL;|UPB n", "REF INT n=NIL;n|:=1", "REF INT n=NIL;n|:=SKIP", "REF REF INT n=NIL;n|:=NIL",
+            "REF STRUCT(INT p)n=NIL;STRUCT(INT p)v=|n;1"};
         for (String marked : used) {
             Check.failsAt(2, marked);
         }
-        Check.prints("REF INT n=NIL;PRINT(n IS NIL);PRINT(n IS n);PRINT(n ISNT NIL);LOC INT a;PRINT(a IS n);PRINT(a ISNT n)", "B1 B1 B0 B0 B1");
-        Check.prints("REF INT n=NIL;REF INT m=n;LOC REF INT k:=n;n;UNION(REF INT,BOOL)u=n;[]REF INT r=(n,NIL);PRINT(r[1]IS r[2])", "B1");
+        Check.prints("REF INT n=NIL;PRINT(n IS NIL);PRINT(n IS n);PRINT(n ISNT NIL);LOC INT a;PRINT(a IS n);PRINT(a ISNT n)",
+                "B1 B1 B0 B0 B1");
+        Check.prints("REF INT n=NIL;REF INT m=n;LOC REF INT k:=n;n;UNION(REF INT,BOOL)u=n;[]REF INT r=(n,NIL);PRINT(r[1]IS r[2])",
+                "B1");
     }
 
     /* In one node what is undefined is told first, then NIL, then BOUND. */
@@ -135,7 +144,8 @@ public final class FailuresEdgeTest {
         Check.failsAt(1, "INT u=SKIP;|LOC[u:99999]INT;1");
         Check.failsAt(2, "REF INT n=NIL;INT u=SKIP;n|:=u");
         Check.failsAt(2, "(REF REF INT n=NIL;n|:=LOC INT)");
-        Check.prints("LOC STRUCT(INT p,[]INT q)s:=(SKIP,SKIP);STRUCT(INT p,[]INT q)t=s;LOC STRUCT(INT p,[]INT q)r:=t;p OF r:=1;PRINT(p OF r)", "I1");
+        Check.prints("LOC STRUCT(INT p,[]INT q)s:=(SKIP,SKIP);STRUCT(INT p,[]INT q)t=s;LOC STRUCT(INT p,[]INT q)r:=t;p OF r:=1;"
+                + "PRINT(p OF r)", "I1");
         Check.failsAt(2, "REF INT n=NIL;|n+INT(SKIP)");
         Check.failsAt(1, "LOC INT m;m|+INT(SKIP)");
     }
@@ -154,17 +164,20 @@ public final class FailuresEdgeTest {
             Check.failsAt(3, row + "r|[0:0]");
             Check.failsAt(3, row + "r|[4:4]");
             Check.failsAt(3, row + "r|[-2147483647-1:2147483647]");
-            Check.prints(row + "PRINT(UPB r[1:0]);PRINT(UPB r[4:3]);PRINT(UPB r[9:-9]);PRINT(LWB r[3:2]);PRINT(UPB r[2147483647:-2147483647-1])",
+            Check.prints(row + "PRINT(UPB r[1:0]);PRINT(UPB r[4:3]);PRINT(UPB r[9:-9]);PRINT(LWB r[3:2]);"
+                    + "PRINT(UPB r[2147483647:-2147483647-1])",
                     "I0 I0 I0 I1 I0");
             Check.failsAt(3, row + "r[2:3]|[0]");
             Check.failsAt(3, row + "r[2:3]|[3]");
         }
-        Check.prints("LOC[-1:1]INT r;r[-1]:=4;r[1]:=6;PRINT(r[-1]);PRINT(r[1]);PRINT(LWB r);PRINT(UPB r);PRINT(LWB r[-1:1])", "I4 I6 I-1 I1 I1");
+        Check.prints("LOC[-1:1]INT r;r[-1]:=4;r[1]:=6;PRINT(r[-1]);PRINT(r[1]);PRINT(LWB r);PRINT(UPB r);PRINT(LWB r[-1:1])",
+                "I4 I6 I-1 I1 I1");
         Check.failsAt(3, "LOC[-1:1]INT r;r|[-2]");
         Check.failsAt(3, "LOC[-1:1]INT r;r|[2]");
         Check.failsAt(3, "LOC[-1:1]INT r;r|[-2:1]");
         Check.failsAt(3, "LOC[-1:1]INT r;r|[-1:2]");
-        String[] empty = {"[]INT r=();", "LOC[]INT r;", "LOC[1:0]INT r;", "LOC[5:4]INT r;", "LOC[2147483647:-2147483647]INT r;", "HEAP[5:1]INT r;"};
+        String[] empty = {"[]INT r=();", "LOC[]INT r;", "LOC[1:0]INT r;", "LOC[5:4]INT r;", "LOC[2147483647:-2147483647]INT r;",
+            "HEAP[5:1]INT r;"};
         for (String row : empty) {
             Check.prints(row + "PRINT(LWB r);PRINT(UPB r);PRINT(UPB r[1:0]);PRINT(UPB r[5:4])", "I1 I0 I0 I0");
             Check.failsAt(3, row + "r|[1]");
@@ -172,7 +185,8 @@ public final class FailuresEdgeTest {
             Check.failsAt(3, row + "r|[1:1]");
             Check.failsAt(3, row + "r|[0:0]");
         }
-        Check.prints("LOC[2147483647:2147483647]INT r;PRINT(LWB r);PRINT(UPB r);r[2147483647]:=3;PRINT(r[UPB r])", "I2147483647 I2147483647 I3");
+        Check.prints("LOC[2147483647:2147483647]INT r;PRINT(LWB r);PRINT(UPB r);r[2147483647]:=3;PRINT(r[UPB r])",
+                "I2147483647 I2147483647 I3");
     }
 
     private static void agesOfNames() {
@@ -194,7 +208,8 @@ public final class FailuresEdgeTest {
         Check.prints("LOC STRUCT(INT q,REF INT p)s;(s:=(1,HEAP INT);1);(s:=(1,NIL);s:=SKIP;1);PRINT(1)", "I1");
         Check.prints("LOC INT a;LOC[]REF INT s;(s:=(a,NIL,a);1);PRINT(UPB s)", "I3");
         Check.failsAt(4, "|HEAP STRUCT(REF INT p,INT q)s:=(LOC INT,1);1");
-        Check.prints("HEAP[]INT h:=(1,2);HEAP STRUCT(INT p,REF INT q)s:=(3,NIL);HEAP UNION(INT,BOOL)u:=4;h:=h[2:2];s:=s;u:=u;PRINT(h[1])", "I2");
+        Check.prints("HEAP[]INT h:=(1,2);HEAP STRUCT(INT p,REF INT q)s:=(3,NIL);HEAP UNION(INT,BOOL)u:=4;h:=h[2:2];s:=s;u:=u;"
+                + "PRINT(h[1])", "I2");
         Check.failsAt(4, "LOC[]REF INT r;(LOC INT a;[]REF INT s=(NIL,a);r:=s[1:1];r|:=s[2:2];1)");
         Check.failsAt(4, "LOC[]REF INT r;(LOC INT a;LOC[]REF INT s:=(NIL,a);r:=s[1:1];r|:=s[2:2];1)");
         Check.failsAt(4, "LOC STRUCT([]REF INT p)r;(LOC INT a;p OF r|:=[]REF INT(a);1)");
@@ -206,6 +221,12 @@ public final class FailuresEdgeTest {
         Check.failsAt(4, "LOC REF INT r;(LOC STRUCT(INT p)s;r|:=p OF s;1)");
         Check.failsAt(4, "LOC REF INT r;(LOC[1:2]INT s;r|:=s[2];1)");
         Check.prints("LOC REF INT r;(HEAP[1:2]INT s;r:=s[2];s[2]:=5;1);PRINT(r)", "I5");
+        Check.failsAt(4, "HEAP[]REF INT h;h:=(NIL,NIL);h[1]|:=LOC INT;1");
+        Check.failsAt(4, "HEAP STRUCT(REF INT p)h;p OF h|:=LOC INT;1");
+        Check.failsAt(4, "LOC[]REF INT r;(r:=(NIL,NIL);1);(r[2]|:=LOC INT;1)");
+        Check.failsAt(4, "LOC[]STRUCT(REF INT p,INT q)r;(r:=((NIL,1),(NIL,2));1);(p OF r[2]|:=LOC INT;1)");
+        Check.prints("(LOC[]REF INT r;r:=(NIL,NIL);r[1]:=LOC INT;LOC STRUCT(REF INT p)s;p OF s:=LOC INT;"
+                + "PRINT(REF INT(r[2])IS NIL))", "B1");
     }
 
     private static void agesOfRoutines() {
@@ -240,6 +261,11 @@ public final class FailuresEdgeTest {
         Check.failsAt(4, "REF INT r=CASE 9 IN NIL,NIL OUT |LOC INT ESAC;1");
         Check.prints("REF INT r=CASE 1 IN LOC INT,NIL ESAC;PRINT(r IS NIL)", "B0");
         Check.failsAt(4, "REF INT r=REF INT(|LOC INT);1");
+        Check.failsAt(4, "REF INT r=(|LOC[1:2]INT a;a[1]);1");
+        Check.failsAt(4, "REF INT r=(|LOC STRUCT(INT p)a;p OF a);1");
+        Check.failsAt(4, "REF INT r=(|LOC[]INT a;a:=(1,2);a[2]);1");
+        Check.prints("REF INT r=(HEAP[1:2]INT a;a[1]:=3;a[1]);PRINT(r)", "I3");
+        Check.prints("INT r=(LOC[1:2]INT a;a[1]:=3;a[1]);[]INT s=(LOC[]INT a:=(1,2);a);PRINT(r+s[2])", "I5");
         Check.prints("(LOC INT);(LOC INT;LOC INT);PRINT(INT(LOC INT:=3)+1)", "I4");
         Check.failsAt(4, "PRINT((|LOC INT:=3)+1)");
         Check.failsAt(4, "PROC REF INT f=REF INT:LOC INT;REF INT r=|f;1");
@@ -265,7 +291,8 @@ public final class FailuresEdgeTest {
 
     private static void numbers() {
         String least = "INT l=-2147483647-1;";
-        Check.prints("PRINT(2147483646+1);PRINT(-2147483647-1);PRINT(46340*46340);PRINT(-65536*32768)", "I2147483647 I-2147483648 I2147395600 I-2147483648");
+        Check.prints("PRINT(2147483646+1);PRINT(-2147483647-1);PRINT(46340*46340);PRINT(-65536*32768)",
+                "I2147483647 I-2147483648 I2147395600 I-2147483648");
         Check.failsAt(5, "2147483647|+1");
         Check.failsAt(5, "-2147483647|-2");
         Check.failsAt(5, "46341|*46341");
@@ -280,31 +307,39 @@ public final class FailuresEdgeTest {
         Check.failsAt(5, least + "0|-l");
         Check.failsAt(5, least + "l|+l");
         Check.failsAt(5, least + "l|-1");
-        Check.prints(least + "PRINT(l*1);PRINT(l/1);PRINT(l%(-1));PRINT(l+1);PRINT(+l);PRINT(-1-l);PRINT(-(l+1));PRINT(l/2);PRINT(l%2)",
+        Check.prints(least + "PRINT(l*1);PRINT(l/1);PRINT(l%(-1));PRINT(l+1);PRINT(+l);PRINT(-1-l);PRINT(-(l+1));PRINT(l/2);"
+                + "PRINT(l%2)",
                 "I-2147483648 I-2147483648 I0 I-2147483647 I-2147483648 I2147483647 I2147483647 I-1073741824 I0");
         Check.failsAt(5, "1|/0");
         Check.failsAt(5, "0|/0");
         Check.failsAt(5, "1|%0");
         Check.failsAt(5, least + "l|%0");
-        Check.prints("PRINT(7/2);PRINT(-7/2);PRINT(7/(-2));PRINT(-7/(-2));PRINT(7%2);PRINT(-7%2);PRINT(7%(-2));PRINT(-7%(-2));PRINT(1/2);PRINT(-1/2)",
+        Check.prints("PRINT(7/2);PRINT(-7/2);PRINT(7/(-2));PRINT(-7/(-2));PRINT(7%2);PRINT(-7%2);PRINT(7%(-2));PRINT(-7%(-2));"
+                + "PRINT(1/2);PRINT(-1/2)",
                 "I3 I-3 I-3 I3 I1 I-1 I1 I-1 I0 I0");
-        Check.prints(least + "PRINT(l<2147483647);PRINT(l>2147483647);PRINT(2147483647<=l);PRINT(l=l);PRINT(l/=l);PRINT(l>=l)", "B1 B0 B0 B1 B0 B1");
+        Check.prints(least + "PRINT(l<2147483647);PRINT(l>2147483647);PRINT(2147483647<=l);PRINT(l=l);PRINT(l/=l);PRINT(l>=l)",
+                "B1 B0 B0 B1 B0 B1");
     }
 
     private static void longNumbers() {
         String most = "LONG m=LONG 2147483647*LONG 2147483647*LONG 2+LONG 2147483647*LONG 4+LONG 1;LONG l=-m-LONG 1;LONG o=1;";
-        Check.prints(most + "PRINT(m);PRINT(l);PRINT(m-o+o);PRINT(l+o-o);PRINT(-m);PRINT(+l);PRINT(l%(-o));PRINT(l*o);PRINT(l/o);PRINT(-o-l)",
+        Check.prints(most + "PRINT(m);PRINT(l);PRINT(m-o+o);PRINT(l+o-o);PRINT(-m);PRINT(+l);PRINT(l%(-o));PRINT(l*o);"
+                + "PRINT(l/o);PRINT(-o-l)",
                 "L9223372036854775807 L-9223372036854775808 L9223372036854775807 L-9223372036854775808 L-9223372036854775807 "
                 + "L-9223372036854775808 L0 L-9223372036854775808 L-9223372036854775808 L9223372036854775807");
-        String[] wrong = {"m|+o", "o|+m", "l|-o", "|-l", "l|*(-o)", "(-o)|*l", "l|/(-o)", "m|*LONG 2", "LONG 2|*m", "LONG 0|-l", "l|+l", "m|/LONG 0",
-            "m|%LONG 0", "l|*LONG 2", "-m|-LONG 2", "(-m)|+(-LONG 2)", "l|*l", "m|*m"};
+        String[] wrong = {"m|+o", "o|+m", "l|-o", "|-l", "l|*(-o)", "(-o)|*l", "l|/(-o)", "m|*LONG 2", "LONG 2|*m", "LONG 0|-l",
+            "l|+l", "m|/LONG 0", "m|%LONG 0", "l|*LONG 2", "-m|-LONG 2", "(-m)|+(-LONG 2)", "l|*l", "m|*m"};
         for (String marked : wrong) {
             Check.failsAt(5, most + marked);
         }
-        Check.prints(most + "PRINT(o*l);PRINT((-o)*m);PRINT(m*(-o));PRINT(LONG 0*l);PRINT(l*LONG 0);PRINT((-o)*LONG 5);PRINT(-o*(-o));PRINT(m/(-o));"
-                + "PRINT(m%(-o));PRINT(-o+o)", "L-9223372036854775808 L-9223372036854775807 L-9223372036854775807 L0 L0 L-5 L1 L-9223372036854775807 L0 L0");
-        Check.prints("LONG o=7;LONG t=2;PRINT(o/t);PRINT(-o/t);PRINT(o/(-t));PRINT(o%t);PRINT(-o%t);PRINT(o%(-t))", "L3 L-3 L-3 L1 L-1 L1");
-        Check.prints(most + "PRINT(m>l);PRINT(m=m);PRINT(l<m);PRINT(m/=l);PRINT(m<=l);PRINT(l>=m);PRINT(l=l)", "B1 B1 B1 B1 B0 B0 B1");
+        Check.prints(most + "PRINT(o*l);PRINT((-o)*m);PRINT(m*(-o));PRINT(LONG 0*l);PRINT(l*LONG 0);PRINT((-o)*LONG 5);"
+                + "PRINT(-o*(-o));PRINT(m/(-o));"
+                + "PRINT(m%(-o));PRINT(-o+o)",
+                "L-9223372036854775808 L-9223372036854775807 L-9223372036854775807 L0 L0 L-5 L1 L-9223372036854775807 L0 L0");
+        Check.prints("LONG o=7;LONG t=2;PRINT(o/t);PRINT(-o/t);PRINT(o/(-t));PRINT(o%t);PRINT(-o%t);PRINT(o%(-t))",
+                "L3 L-3 L-3 L1 L-1 L1");
+        Check.prints(most + "PRINT(m>l);PRINT(m=m);PRINT(l<m);PRINT(m/=l);PRINT(m<=l);PRINT(l>=m);PRINT(l=l)",
+                "B1 B1 B1 B1 B0 B0 B1");
         String root = "LONG r=LONG 2147483647+LONG 889516852;";
         Check.prints(root + "PRINT(r*r);PRINT(r*(-r))", "L9223372030926249001 L-9223372030926249001");
         Check.failsAt(5, root + "(r+LONG 1)|*(r+LONG 1)");
@@ -313,13 +348,15 @@ public final class FailuresEdgeTest {
         Check.failsAt(5, "|SHORTEN(LONG 2147483647+LONG 1)");
         Check.failsAt(5, "|SHORTEN(-LONG 2147483647-LONG 2)");
         Check.failsAt(5, most + "|SHORTEN m");
-        Check.prints("INT i=-2147483647-1;LONG l=i;PRINT(l);PRINT(LENG i-LONG 1);PRINT(-LENG i)", "L-2147483648 L-2147483649 L2147483648");
+        Check.prints("INT i=-2147483647-1;LONG l=i;PRINT(l);PRINT(LENG i-LONG 1);PRINT(-LENG i)",
+                "L-2147483648 L-2147483649 L2147483648");
     }
 
     /* Each comparison of less, the same and more; and each of two BOOLS. */
     private static void comparisons() {
         String[] signs = {"=", "/=", "<", "<=", ">", ">="};
-        boolean[][] holds = {{false, true, false}, {true, false, true}, {true, false, false}, {true, true, false}, {false, false, true}, {false, true, true}};
+        boolean[][] holds = {{false, true, false}, {true, false, true}, {true, false, false}, {true, true, false},
+            {false, false, true}, {false, true, true}};
         for (int s = 0; s < signs.length; s++) {
             String want = "B" + (holds[s][0] ? 1 : 0) + " B" + (holds[s][1] ? 1 : 0) + " B" + (holds[s][2] ? 1 : 0);
             Check.prints("PRINT(1@2);PRINT(2@2);PRINT(3@2)".replace("@", signs[s]), want);
@@ -331,14 +368,16 @@ public final class FailuresEdgeTest {
         Check.prints(both.replace("@", "/="), "B0 B1 B1 B0");
         Check.prints(both.replace("@", "&"), "B0 B0 B0 B1");
         Check.prints(both.replace("@", "!"), "B0 B1 B1 B1");
-        Check.prints("PRINT(~TRUE);PRINT(~FALSE);PRINT(+3);PRINT(-3);PRINT(+LONG 3);PRINT(-LONG 3);PRINT(LENG 3);PRINT(SHORTEN LONG 3)",
+        Check.prints("PRINT(~TRUE);PRINT(~FALSE);PRINT(+3);PRINT(-3);PRINT(+LONG 3);PRINT(-LONG 3);PRINT(LENG 3);"
+                + "PRINT(SHORTEN LONG 3)",
                 "B0 B1 I3 I-3 L3 L-3 L3 I3");
     }
 
     /* Failure, its place, and how many PLACES were made. */
     private static void makes(String text, String want) {
         String[] words = Check.run(text, 0, 3000).split(" ");
-        Check.due("places of " + text, words.length > 3 ? words[0] + " " + words[1] + " " + words[3] : String.join(" ", words), want);
+        Check.due("places of " + text, words.length > 3 ? words[0] + " " + words[1] + " " + words[3] : String.join(" ", words),
+                want);
     }
 
     private static void places() {
@@ -383,21 +422,27 @@ public final class FailuresEdgeTest {
         makes(most + "LOC[1:30]INT e;LOC[][]INT f;f:=((1,2),(1,2,3,4));1", "0 -1 300");
         makes(most + "LOC[1:30]INT e;LOC[][]INT f;f:=((1,2),(1,2,3,4,5));1", "6 89 292");
         makes(most + "LOC[1:30]INT e;LOC[][]INT f:=((1,2),(1,2,3,4,5));1", "6 75 292");
+        makes(most + "LOC[1:36]INT e;LOC[]REF INT f;(LOC INT x;f:=(x,NIL);1)", "4 102 299");
+        makes(most + "LOC[1:36]INT e;LOC[]REF INT f;(LOC INT x;f:=(NIL,NIL);1)", "6 102 299");
         makes("FOR i TO 300 DO LOC INT OD;PRINT(1)", "0 -1 300");
         makes("FOR i TO 301 DO LOC INT OD;PRINT(1)", "6 16 300");
-        String modes = "MODE A=STRUCT(INT p,INT q,INT r,INT s,INT t,INT u,INT v,INT w);MODE B=STRUCT(A p,A q,A r,A s,A t,A u,A v,A w);";
+        String modes = "MODE A=STRUCT(INT p,INT q,INT r,INT s,INT t,INT u,INT v,INT w);"
+                + "MODE B=STRUCT(A p,A q,A r,A s,A t,A u,A v,A w);";
         makes(modes + "LOC B a;1", "0 -1 73");
         makes(modes + "LOC[1:4]B a;1", "0 -1 293");
         makes(modes + "LOC[1:5]B a;1", "6 " + modes.length() + " 0");
         makes(modes + "LOC[1:4]B a;LOC[1:6]INT b;1", "0 -1 300");
         makes(modes + "LOC[1:4]B a;HEAP[1:7]INT b;1", "6 " + (modes.length() + 12) + " 293");
-        String turned = "MODE B=STRUCT(A p,A q,A r,A s,A t,A u,A v,A w);MODE A=STRUCT(INT p,INT q,INT r,INT s,INT t,INT u,INT v,INT w);";
+        String turned = "MODE B=STRUCT(A p,A q,A r,A s,A t,A u,A v,A w);"
+                + "MODE A=STRUCT(INT p,INT q,INT r,INT s,INT t,INT u,INT v,INT w);";
         makes(turned + "LOC[1:4]B a;1", "0 -1 293");
         makes(turned + "LOC[1:5]B a;1", "6 " + turned.length() + " 0");
         makes(turned + "LOC STRUCT(B p,B q,B r,B s,STRUCT(INT a,INT b,INT c,INT d,INT e)t,INT u)a;1", "0 -1 300");
-        makes(turned + "LOC STRUCT(B p,B q,B r,B s,STRUCT(INT a,INT b,INT c,INT d,INT e)t,INT u,INT v)a;1", "6 " + turned.length() + " 0");
+        makes(turned + "LOC STRUCT(B p,B q,B r,B s,STRUCT(INT a,INT b,INT c,INT d,INT e)t,INT u,INT v)a;1",
+                "6 " + turned.length() + " 0");
         makes(turned + "LOC STRUCT(B p,B q,B r,B s,B t)a;1", "6 " + turned.length() + " 0");
-        makes("MODE E=STRUCT(D a,D b,D c,D d);MODE D=STRUCT(A a,A b,A c,A d);MODE A=STRUCT(B a,B b,B c,B d);MODE B=STRUCT(INT a,INT b,INT c,INT d);LOC E e;1",
+        makes("MODE E=STRUCT(D a,D b,D c,D d);MODE D=STRUCT(A a,A b,A c,A d);MODE A=STRUCT(B a,B b,B c,B d);"
+                + "MODE B=STRUCT(INT a,INT b,INT c,INT d);LOC E e;1",
                 "6 132 0");
     }
 
@@ -422,7 +467,8 @@ public final class FailuresEdgeTest {
         Check.failsAt(6, SIZES + "[][]INT d=b[1:7];[][][]INT c=|(d,b,b,b,b);1");
         Check.prints(full + "[][][]INT d=c;PROC[][][]INT f=[][][]INT:c;PRINT(UPB f[1:5])", "I5");
         Check.prints(less + "UNION([][][]INT,INT)d=c;UNION([][][]INT,INT,BOOL)e=d;PRINT(1)", "I1");
-        String struct = SIZES + "[][][]INT c=(b,b,b,b,[]INT((1,#)));MODE U=UNION([][][]INT,INT);LOC STRUCT(U p,INT q)s;p OF s:=c;";
+        String struct = SIZES + "[][][]INT c=(b,b,b,b,[]INT((1,#)));MODE U=UNION([][][]INT,INT);LOC STRUCT(U p,INT q)s;"
+                + "p OF s:=c;";
         Check.prints(struct.replace("#", "2") + "STRUCT(U p,INT q)t=s;PRINT(1)", "I1");
         Check.failsAt(6, struct.replace("#", "2,3") + "STRUCT(U p,INT q)t=|s;1");
         Check.prints(struct.replace("#", "2,3,4") + "U t=p OF s;PRINT(1)", "I1");
@@ -443,7 +489,6 @@ public final class FailuresEdgeTest {
         makes("LOC INT x;LOC[1:65]INT a;1", "6 10 1");
     }
 
-    /* n RANGES around: parentheses within the text's 24, and a call that goes deeper. */
     private static void deepest(String text, int depth) {
         String[] words = Check.run(text, 0, 3000).split(" ");
         Check.due("depth of " + text, words.length > 4 ? words[4] : String.join(" ", words), depth);
@@ -471,27 +516,23 @@ public final class FailuresEdgeTest {
         deepest("UNION(INT,BOOL)u=TRUE;CASE u WHEN(INT i):(1)OUT 1 ESAC", 2);
         deepest("UNION(INT,BOOL)u=TRUE;CASE u WHEN(INT a):1 OUT(1)ESAC;CASE u WHEN(BOOL b):2 ESAC", 3);
         deepest("[]INT a=(1,2);a[1]", 1);
-        String[][] inner = {{"|1", ""}, {"(|1)", "1"}, {"(|1+1)", "1"}, {"BEGIN |MODE M=INT;1 END", "1"}, {"|FOR i TO 1 DO 1 OD", "1"}, {"f|(1)", "1"}, {"|A 1", "1"}, {"1|B 1", "1"},
-            {"|g", "1"}, {"CASE |u WHEN(INT i):1 ESAC", "1"}, {"IF |TRUE THEN 1 FI", "1"}, {"PRINT(|g)", "1"}};
-        String setup = "PROC(INT)INT f=(INT a)INT:1;OP A=(INT a)INT:1;OP B=(INT a,INT b)INT:1;PROC INT g=INT:1;UNION(INT,BOOL)u=1;";
-        for (String[] part : inner) {
-            int own = part[1].isEmpty() ? 0 : 1;
-            String deep = setup + "PROC(INT)VOID d=(INT n)VOID:IF n>1 THEN d(n-1)ELSE " + part[0] + " FI;";
-            int at = Check.mark(deep);
-            String text = Check.plain(deep);
-            boolean loop = part[0].contains("FOR");
-            int left = 40 - own;
-            Check.due("40 deep " + part[0], Check.outline(text + deepen(left - (loop ? 1 : 0))).split(" :")[0], "0 -1");
-            String beyond = Check.outline(text + deepen(left + 1 - (loop ? 1 : 0))).split(" :")[0];
-            Check.due("41 deep " + part[0], beyond.startsWith("6 "), true);
-            if (!loop && own == 1) {
-                Check.due("where 41 deep " + part[0], beyond, "6 " + at);
-            }
+    }
+
+    /* Each RANGE that begins where the DEPTH is 39 is right; where it is 40 it is refused, at the marked node. */
+    private static void tooDeep() {
+        String[] inner = {"(|1)", "(|1+1)", "BEGIN |MODE M=INT;1 END", "f|(1)", "|A 1", "1 |B 1", "|g", "PRINT(|g)",
+            "CASE |u WHEN(INT i):1 ESAC", "IF |TRUE THEN 1 FI", "INT(|1)"};
+        String setup = "PROC(INT)INT f=(INT a)INT:1;OP A=(INT a)INT:1;OP B=(INT a,INT b)INT:1;PROC INT g=INT:1;"
+                + "UNION(INT,BOOL)u=1;";
+        for (String marked : inner) {
+            String deep = setup + "PROC(INT)VOID d=(INT n)VOID:IF n>1 THEN d(n-1)ELSE " + marked + " FI;";
+            Check.due("40 deep " + marked, ending(Check.plain(deep) + deepen(39)), "0 -1");
+            Check.due("41 deep " + marked, ending(Check.plain(deep) + deepen(40)), "6 " + Check.mark(deep));
         }
         String turn = "PROC(INT)VOID d=(INT n)VOID:IF n>1 THEN d(n-1)ELSE FOR i FROM 1 TO 1 DO 1+1 OD FI;";
-        Check.due("a turn of 41", Check.outline(turn + deepen(40)).split(" :")[0], "6 " + turn.indexOf("FOR"));
-        Check.due("a DO of 41", Check.outline(turn + deepen(39)).split(" :")[0], "6 " + turn.indexOf("1+1"));
-        Check.due("a DO of 40", Check.outline(turn + deepen(38)).split(" :")[0], "0 -1");
+        Check.due("a turn of 41", ending(turn + deepen(40)), "6 " + turn.indexOf("FOR"));
+        Check.due("a DO of 41", ending(turn + deepen(39)), "6 " + turn.indexOf("1+1"));
+        Check.due("a DO of 40", ending(turn + deepen(38)), "0 -1");
         Check.failsAt(6, "PROC INT f=INT:|f;f");
         Check.failsAt(6, "PROC INT f=INT:(|f);f");
         Check.failsAt(6, "PROC(INT)INT f=(INT n)INT:f|(n);f(1)");
@@ -499,7 +540,11 @@ public final class FailuresEdgeTest {
         Check.failsAt(6, "OP A=(INT n,INT m)INT:n |A m;1 A 1");
     }
 
-    /* d(n) has DEPTH 2n + 1 where its innermost part is: RANGES d, THEN or ELSE each; the program and parentheses before. */
+    private static String ending(String text) {
+        return Check.outline(text).split(" :")[0];
+    }
+
+    /* d(n) has n times two RANGES, its own and that behind THEN or ELSE, on those of the program and the parentheses. */
     private static String deepen(int depth) {
         int parentheses = depth % 2 == 1 ? 0 : 1;
         int n = (depth - 1 - parentheses) / 2;

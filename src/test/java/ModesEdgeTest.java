@@ -1,11 +1,10 @@
 /** Term 3, sentence by sentence: which modes are ONE, and the faults 2 and 4 of a text's modes in their order. */
 public final class ModesEdgeTest {
     /* Parts of texts that have a fault each; the number ahead says in which turn it is looked for, and which it is. */
-    private static final String[] FAULTS = {
-        "12MODE A=INT;MODE |A=INT", "12PRIO P=1;PRIO |P=1", "12(MODE D=INT;1);(MODE |D=BOOL;1)",
-        "24MODE |B=REF B", "24MODE |C=STRUCT(C c)", "24MODE |E=UNION(INT,[]E)",
-        "34LOC |VOID v", "32LOC STRUCT(INT f,INT |f)s", "32(INT p,BOOL |p)INT:1", "34LOC |UNION(INT)u", "34LOC |UNION(INT,REF INT)w",
-        "42INT z=1;INT |z=2", "53|x", "55INT y=|TRUE", "56(1|+TRUE)", "52(INT k=1;LOC INT |k;1)"};
+    private static final String[] FAULTS = {"12MODE A=INT;MODE |A=INT", "12PRIO P=1;PRIO |P=1",
+        "12(MODE D=INT;1);(MODE |D=BOOL;1)", "24MODE |B=REF B", "24MODE |C=STRUCT(C c)", "24MODE |E=UNION(INT,[]E)",
+        "34LOC |VOID v", "32LOC STRUCT(INT f,INT |f)s", "32(INT p,BOOL |p)INT:1", "34LOC |UNION(INT)u",
+        "34LOC |UNION(INT,REF INT)w", "42INT z=1;INT |z=2", "53|x", "55INT y=|TRUE", "56(1|+TRUE)", "52(INT k=1;LOC INT |k;1)"};
 
     private ModesEdgeTest() {
     }
@@ -68,8 +67,9 @@ public final class ModesEdgeTest {
             Check.faultyAt(4, "MODE |A=B;MODE B=" + road + ";1");
         }
         String[] right = {"STRUCT(REF A a)", "STRUCT([]A a)", "STRUCT(PROC A a)", "STRUCT(PROC(A)INT a)", "REF STRUCT(A a)",
-            "[]STRUCT(A a)", "PROC STRUCT(A a)", "PROC(STRUCT(A a))INT", "STRUCT(UNION(INT,REF A)a)", "UNION(INT,REF STRUCT(A a))",
-            "STRUCT(REF STRUCT(A a)b)", "STRUCT(STRUCT(REF A a)b,INT c)", "UNION(INT,STRUCT(REF A a))"};
+            "[]STRUCT(A a)", "PROC STRUCT(A a)", "PROC(STRUCT(A a))INT", "STRUCT(UNION(INT,REF A)a)",
+            "UNION(INT,REF STRUCT(A a))", "STRUCT(REF STRUCT(A a)b)", "STRUCT(STRUCT(REF A a)b,INT c)",
+            "UNION(INT,STRUCT(REF A a))"};
         for (String road : right) {
             Check.good("MODE A=" + road + ";1");
             Check.good("MODE A=B;MODE B=" + road + ";1");
@@ -121,9 +121,10 @@ public final class ModesEdgeTest {
             Check.faultyAt(4, "MODE U=|" + union + ";1");
         }
         String[] right = {"UNION(INT,BOOL)", "UNION(INT,LONG)", "UNION(INT,INT,BOOL)", "UNION(UNION(INT,BOOL))",
-            "UNION(UNION(INT,BOOL),INT)", "UNION(INT,PROC(INT)INT)", "UNION(INT,[]INT)", "UNION(INT,REF[]INT)", "UNION(REF INT,PROC INT)",
-            "UNION(INT,REF LONG)", "UNION(REF INT,REF BOOL)", "UNION(INT,PROC VOID)", "UNION(INT,STRUCT(INT a))",
-            "UNION(INT,REF UNION(INT,BOOL))", "UNION(STRUCT(INT a),STRUCT(INT b))", "UNION(PROC(INT)INT,PROC(INT)BOOL)"};
+            "UNION(UNION(INT,BOOL),INT)", "UNION(INT,PROC(INT)INT)", "UNION(INT,[]INT)", "UNION(INT,REF[]INT)",
+            "UNION(REF INT,PROC INT)", "UNION(INT,REF LONG)", "UNION(REF INT,REF BOOL)", "UNION(INT,PROC VOID)",
+            "UNION(INT,STRUCT(INT a))", "UNION(INT,REF UNION(INT,BOOL))", "UNION(STRUCT(INT a),STRUCT(INT b))",
+            "UNION(PROC(INT)INT,PROC(INT)BOOL)"};
         for (String union : right) {
             Check.good("LOC " + union + " u;1");
         }
@@ -138,7 +139,8 @@ public final class ModesEdgeTest {
         Check.faultyAt(4, "|UNION(INT)u=1;1");
         Check.faultyAt(4, "|UNION(INT)u=1;UNION(BOOL)v=1;1");
         Check.faultyAt(4, "|UNION(UNION(INT),UNION(INT))u=1;1");
-        String many = "MODE C=UNION(INT,BOOL);MODE B=UNION(C,C,C,C,C,C,C,C);MODE A=UNION(B,B,B,B,B,B,B,B);MODE D=UNION(A,A,A,A,A,A,A,A);"
+        String many = "MODE C=UNION(INT,BOOL);MODE B=UNION(C,C,C,C,C,C,C,C);MODE A=UNION(B,B,B,B,B,B,B,B);"
+                + "MODE D=UNION(A,A,A,A,A,A,A,A);"
                 + "MODE E=UNION(D,D,D,D,D,D,D,D);";
         Check.prints(many + "E e=3;CASE e WHEN(BOOL b):PRINT(b),(C c):PRINT(4)ESAC", "I4");
         Check.faultyAt(4, "LOC UNION(INT,REF |UNION(BOOL,BOOL))u;1");

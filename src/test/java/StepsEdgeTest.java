@@ -161,7 +161,8 @@ public final class StepsEdgeTest {
         within("INT u=SKIP;PRINT(u)", 4, "7 17 4 0 1");
         within("PROC INT f=INT:f;f", 82, "7 15 82 0 40");
         within("PROC INT f=INT:f;f", 83, "6 15 83 0 40");
-        String sizes = "[]INT a=(1,2,3,4,5,6,7,8);[][]INT b=(a,a,a,a,a,a,a,a);[][][]INT c=(b,b,b,b,[]INT((1,2,3)));MODE U=UNION([][][]INT,INT);";
+        String sizes = "[]INT a=(1,2,3,4,5,6,7,8);[][]INT b=(a,a,a,a,a,a,a,a);[][][]INT c=(b,b,b,b,[]INT((1,2,3)));"
+                + "MODE U=UNION([][][]INT,INT);";
         String struct = sizes + "LOC STRUCT(U p,INT q)s;p OF s:=c;STRUCT(U p,INT q)t=s;1";
         int place = struct.length() - 3;
         String[] words = Check.run(struct, 0, 3000).split(" ");
@@ -175,8 +176,8 @@ public final class StepsEdgeTest {
     /* With just as many steps as it takes it ends; with less it fails by 7 behind no more than those. */
     private static void everyLimit() {
         String[] texts = {"LOC INT a:=1;PROC INT f=INT:(a:=a+1;a);PRINT(f+a*f);FOR i TO 3 WHILE i<3 DO PRINT(i)OD",
-            "LOC[1:4]STRUCT(INT p,INT q)a;a[2]:=(1,2);[]STRUCT(INT p,INT q)b=a[2:3];LOC[]STRUCT(INT p,INT q)c:=a;PRINT(p OF a[2]);PRINT(UPB b)",
-            "UNION(INT,[]LONG)u=[]LONG(1);CASE u WHEN(INT i):PRINT(i),([]LONG r):PRINT(r[1])ESAC;PRINT(IF TRUE THEN 1 ELSE 2 FI)"};
+            "MODE S=STRUCT(INT p,INT q);LOC[1:4]S a;a[2]:=(1,2);[]S b=a[2:3];LOC[]S c:=a;PRINT(p OF a[2]);PRINT(UPB b)",
+            "UNION(INT,[]LONG)u=[]LONG(1);CASE u WHEN(INT i):PRINT(i),([]LONG r):PRINT(r[1])ESAC;PRINT(IF TRUE THEN 1 FI)"};
         for (String text : texts) {
             AlgolHouse house = new AlgolHouse();
             Check.due("a program: " + text, Check.read(house, text), 0);
@@ -198,15 +199,19 @@ public final class StepsEdgeTest {
 
     private static void loops() {
         Check.prints("FOR i TO 3 DO PRINT(i)OD", "I1 I2 I3");
-        Check.prints("FOR i FROM 2 TO 3 DO PRINT(i)OD;FOR i BY 2 TO 4 DO PRINT(i)OD;FOR i BY 2 TO 5 DO PRINT(i)OD", "I2 I3 I1 I3 I1 I3 I5");
-        Check.prints("FOR i TO 1 DO PRINT(i)OD;FOR i TO 0 DO PRINT(i)OD;FOR i FROM 5 TO 5 DO PRINT(i)OD;FOR i FROM 6 TO 5 DO PRINT(i)OD", "I1 I5");
-        Check.prints("FOR i FROM 3 BY -1 TO 1 DO PRINT(i)OD;FOR i FROM 3 BY -1 TO 3 DO PRINT(i)OD;FOR i FROM 3 BY -1 TO 4 DO PRINT(i)OD", "I3 I2 I1 I3");
+        Check.prints("FOR i FROM 2 TO 3 DO PRINT(i)OD;FOR i BY 2 TO 4 DO PRINT(i)OD;FOR i BY 2 TO 5 DO PRINT(i)OD",
+                "I2 I3 I1 I3 I1 I3 I5");
+        Check.prints("FOR i TO 1 DO PRINT(i)OD;FOR i TO 0 DO PRINT(i)OD;FOR i FROM 5 TO 5 DO PRINT(i)OD;"
+                + "FOR i FROM 6 TO 5 DO PRINT(i)OD", "I1 I5");
+        Check.prints("FOR i FROM 3 BY -1 TO 1 DO PRINT(i)OD;FOR i FROM 3 BY -1 TO 3 DO PRINT(i)OD;"
+                + "FOR i FROM 3 BY -1 TO 4 DO PRINT(i)OD", "I3 I2 I1 I3");
         Check.prints("FOR i FROM 2147483646 DO PRINT(i)OD", "I2147483646 I2147483647");
         Check.prints("FOR i FROM 2147483647 TO 2147483647 DO PRINT(i)OD", "I2147483647");
         Check.prints("FOR i BY 2147483647 DO PRINT(i)OD;FOR i FROM 0 BY 2147483647 DO PRINT(i)OD", "I1 I0 I2147483647");
         Check.prints("FOR i FROM -2147483647 BY -1 DO PRINT(i)OD", "I-2147483647 I-2147483648");
         Check.prints("FOR i FROM -2147483647-1 BY -2147483647-1 TO -2147483647-1 DO PRINT(i)OD", "I-2147483648");
-        Check.prints("FOR i FROM 5 BY 0 TO 1 WHILE FALSE DO 1 OD;LOC INT n:=0;FOR i FROM 5 BY 0 TO 1 WHILE n<2 DO n:=n+1;PRINT(i)OD", "I5 I5");
+        Check.prints("FOR i FROM 5 BY 0 TO 1 WHILE FALSE DO 1 OD;LOC INT n:=0;FOR i FROM 5 BY 0 TO 1 WHILE n<2 DO n:=n+1;"
+                + "PRINT(i)OD", "I5 I5");
         Check.prints("LOC INT n:=0;FOR i FROM 1 BY 0 TO 9 WHILE n<2 DO n:=n+1;PRINT(i)OD", "I1 I1");
         Check.fails("FOR i BY 0 TO 0 DO SKIP OD", 7, 19);
         Check.prints("LOC INT n:=3;TO n DO n:=1;PRINT(n)OD", "I1 I1 I1");
@@ -216,29 +221,42 @@ public final class StepsEdgeTest {
 
     private static void clauses() {
         Check.prints("FOR i FROM 0 TO 4 DO PRINT(CASE i IN 11,12,13 OUT 19 ESAC)OD", "I19 I11 I12 I13 I19");
-        Check.prints("PRINT(CASE -1 IN 1,2 OUT 3 ESAC);PRINT(CASE 2147483647 IN 1,2 OUT 3 ESAC);PRINT(CASE -2147483647-1 IN 1,2 OUT 3 ESAC)", "I3 I3 I3");
+        Check.prints("PRINT(CASE -1 IN 1,2 OUT 3 ESAC);PRINT(CASE 2147483647 IN 1,2 OUT 3 ESAC);"
+                + "PRINT(CASE -2147483647-1 IN 1,2 OUT 3 ESAC)", "I3 I3 I3");
         Check.prints("PRINT(CASE 8 IN 1,2,3,4,5,6,7,8 ESAC);CASE 9 IN 1,2,3,4,5,6,7,PRINT(8)ESAC", "I8");
         Check.prints("IF TRUE THEN PRINT(1)FI;IF FALSE THEN PRINT(2)FI;IF FALSE THEN PRINT(3)ELSE PRINT(4)FI", "I1 I4");
     }
 
     /* What comes through several STEPS is what it was. */
     private static void comings() {
-        Check.prints("LOC INT a:=7;LONG b=a;PRINT(b);[]LONG c=a;PRINT(c[1]);[][]INT d=a;PRINT(d[1][1]);PRINT(UPB d);PRINT(UPB d[1])", "L7 L7 I7 I1 I1");
+        Check.prints("LOC INT a:=7;LONG b=a;PRINT(b);[]LONG c=a;PRINT(c[1]);[][]INT d=a;PRINT(d[1][1]);PRINT(UPB d);"
+                + "PRINT(UPB d[1])", "L7 L7 I7 I1 I1");
         Check.prints("PROC INT f=INT:3;LONG b=f;PRINT(b);[]LONG c=f;PRINT(c[1]);PRINT(f+f)", "L3 L3 I6");
-        Check.prints("LOC INT a:=7;UNION(INT,BOOL)u=a;CASE u WHEN(INT i):PRINT(i)ESAC;[]UNION(INT,BOOL)v=a;CASE v[1]WHEN(INT i):PRINT(i)ESAC", "I7 I7");
-        Check.prints("LOC REF PROC INT f:=LOC PROC INT:=INT:4;PRINT(f);LONG b=f;PRINT(b);UNION(LONG,INT)u=f;CASE u WHEN(INT i):PRINT(i)ESAC", "I4 L4 I4");
-        Check.prints("LOC[]INT a:=(1,2);[][]INT b=a;PRINT(UPB b);PRINT(b[1][2]);LOC REF[]INT c:=a;PRINT(c[2]);PRINT(UPB c)", "I1 I2 I2 I2");
+        Check.prints("LOC INT a:=7;UNION(INT,BOOL)u=a;CASE u WHEN(INT i):PRINT(i)ESAC;[]UNION(INT,BOOL)v=a;"
+                + "CASE v[1]WHEN(INT i):PRINT(i)ESAC", "I7 I7");
+        Check.prints("LOC REF PROC INT f:=LOC PROC INT:=INT:4;PRINT(f);LONG b=f;PRINT(b);UNION(LONG,INT)u=f;"
+                + "CASE u WHEN(INT i):PRINT(i)ESAC", "I4 L4 I4");
+        Check.prints("LOC[]INT a:=(1,2);[][]INT b=a;PRINT(UPB b);PRINT(b[1][2]);LOC REF[]INT c:=a;PRINT(c[2]);PRINT(UPB c)",
+                "I1 I2 I2 I2");
         Check.prints("PROC REF INT f=REF INT:HEAP INT:=5;PRINT(f);f:=6;INT a=f;PRINT(a)", "I5 I5");
-        Check.prints("LOC STRUCT(INT p,INT q)s:=(1,2);LOC REF STRUCT(INT p,INT q)r:=s;PRINT(q OF r);q OF r:=3;PRINT(q OF s)", "I2 I3");
+        Check.prints("INT k=1;OP A=(INT n)INT:n+k;PROC INT f=INT:k+A k;(INT k=9;PRINT(A k);PRINT(f))", "I10 I3");
+        Check.prints("PROC(INT)INT f=(INT n)INT:(LOC INT a:=n;IF n>0 THEN f(n-1)FI;a);PRINT(f(3))", "I3");
+        Check.prints("PROC(INT,PROC INT)INT f=(INT n,PROC INT g)INT:IF n=0 THEN g ELSE f(n-1,IF n=2 THEN INT:n*10 ELSE g FI)FI;"
+                + "PRINT(f(4,INT:1))", "I20");
+        Check.prints("LOC STRUCT(INT p,INT q)s:=(1,2);LOC REF STRUCT(INT p,INT q)r:=s;PRINT(q OF r);q OF r:=3;PRINT(q OF s)",
+                "I2 I3");
     }
 
     private static void puts() {
         Check.prints("LOC[1:3]INT a:=(1,2,3);REF INT b=a[2];a:=(4,5,6);b:=9;PRINT(a[2]);PRINT(b)", "I5 I9");
         Check.prints("LOC STRUCT(INT p,INT q)a:=(1,2);REF INT b=q OF a;a:=(3,4);PRINT(b);b:=5;PRINT(q OF a)", "I4 I5");
-        Check.prints("LOC[3:4]INT a;[]INT b=a;LOC[]INT c:=b;PRINT(LWB c);PRINT(UPB c);c:=(1,2,3);PRINT(LWB c);PRINT(UPB c)", "I3 I4 I1 I3");
-        Check.prints("LOC[3:4]INT a;a[3]:=1;a[4]:=2;LOC[]INT b:=a;a[3]:=7;PRINT(b[3]);LOC[]INT c:=a[4:4];PRINT(LWB c);PRINT(c[1])", "I1 I1 I2");
+        Check.prints("LOC[3:4]INT a;[]INT b=a;LOC[]INT c:=b;PRINT(LWB c);PRINT(UPB c);c:=(1,2,3);PRINT(LWB c);PRINT(UPB c)",
+                "I3 I4 I1 I3");
+        Check.prints("LOC[3:4]INT a;a[3]:=1;a[4]:=2;LOC[]INT b:=a;a[3]:=7;PRINT(b[3]);LOC[]INT c:=a[4:4];PRINT(LWB c);"
+                + "PRINT(c[1])", "I1 I1 I2");
         Check.prints("LOC[1:2]INT a:=(1,2);a:=a;PRINT(a[2]);a:=a[2:2];PRINT(UPB a);PRINT(a[1])", "I2 I1 I2");
-        Check.prints("LOC STRUCT(INT p,STRUCT(INT r,INT s)q)a;q OF a:=(1,2);p OF a:=3;LOC STRUCT(INT p,STRUCT(INT r,INT s)q)b:=a;s OF q OF a:=9;"
+        Check.prints("LOC STRUCT(INT p,STRUCT(INT r,INT s)q)a;q OF a:=(1,2);p OF a:=3;"
+                + "LOC STRUCT(INT p,STRUCT(INT r,INT s)q)b:=a;s OF q OF a:=9;"
                 + "PRINT(s OF q OF b);PRINT(s OF q OF a);PRINT(p OF b)", "I2 I9 I3");
         Check.prints("LOC INT a:=1;LOC INT b:=a;a:=2;PRINT(b);PRINT(a);REF INT c=a:=3;PRINT(c IS a);PRINT(a)", "I1 I2 B1 I3");
         Check.prints("LOC INT a;LOC INT b;a:=b:=4;PRINT(a);PRINT(b)", "I4 I4");
@@ -252,12 +270,16 @@ public final class StepsEdgeTest {
         String modes = "MODE U=UNION(INT,BOOL);MODE V=UNION(INT,BOOL,LONG,[]INT);";
         Check.prints(modes + "V v=U(TRUE);PRINT(CASE v WHEN(LONG l):1,(U u):2,(BOOL b):3 ESAC)", "I2");
         Check.prints(modes + "V v=U(TRUE);PRINT(CASE v WHEN(LONG l):1,(BOOL b):3,(U u):2 ESAC)", "I3");
-        Check.prints(modes + "V v=LONG 4;PRINT(CASE v WHEN(U u):2 OUT 5 ESAC);V w=[]INT(1);PRINT(CASE w WHEN(U u):2,([]INT r):UPB r ESAC)", "I5 I1");
+        Check.prints(modes + "V v=LONG 4;PRINT(CASE v WHEN(U u):2 OUT 5 ESAC);V w=[]INT(1);"
+                + "PRINT(CASE w WHEN(U u):2,([]INT r):UPB r ESAC)", "I5 I1");
         Check.prints(modes + "U u=3;V v=u;CASE v WHEN(U w):CASE w WHEN(INT i):PRINT(i)ESAC ESAC", "I3");
         Check.prints(modes + "LOC V v:=1;v:=TRUE;v:=U(8);CASE v WHEN(INT i):PRINT(i),(BOOL b):PRINT(b)ESAC", "I8");
         Check.prints(modes + "V v=1;CASE v WHEN(V w):CASE w WHEN(INT i):PRINT(i)ESAC ESAC", "I1");
-        Check.prints(modes + "V v=LONG 1;U u=2;CASE u WHEN(BOOL b):PRINT(0),(INT i):CASE v WHEN(INT k):PRINT(1)OUT PRINT(5)ESAC ESAC", "I5");
-        Check.prints(modes + "V v=LONG 1;U u=2;CASE u WHEN(BOOL b):PRINT(0),(INT i):CASE v WHEN(INT k):PRINT(1),(LONG l):PRINT(l)ESAC OUT PRINT(6)ESAC", "L1");
+        Check.prints(modes + "V v=LONG 1;U u=2;"
+                + "CASE u WHEN(BOOL b):PRINT(0),(INT i):CASE v WHEN(INT k):PRINT(1)OUT PRINT(5)ESAC ESAC", "I5");
+        Check.prints(modes + "V v=LONG 1;U u=2;"
+                + "CASE u WHEN(BOOL b):PRINT(0),(INT i):CASE v WHEN(INT k):PRINT(1),(LONG l):PRINT(l)ESAC OUT PRINT(6)ESAC",
+                "L1");
         Check.prints("UNION(INT,STRUCT(BOOL b))u=2;CASE u WHEN(REF INT r):PRINT(0),(LONG l):PRINT(0),(INT i):PRINT(i)ESAC", "I2");
     }
 
@@ -287,11 +309,14 @@ public final class StepsEdgeTest {
     }
 
     private static void draws() {
-        String[] sides = {"t(1)+t(2)", "(t(1);HEAP INT):=t(2)", "(t(1);HEAP INT)IS(t(2);HEAP INT)", "(t(1);HEAP INT)ISNT(t(2);HEAP INT)",
-            "(t(1);PROC(INT)INT((INT n)INT:1))(t(2))", "(t(1);PROC(INT,INT,INT,INT,INT,INT,INT,INT)INT(SKIP))(t(2),t(3),t(4),t(5),t(6),t(7),t(8),t(9))",
-            "(t(1);[]INT(1))[t(2)]", "(t(1);[]INT(1))[t(2):t(3)]", "[]INT a=(t(1),t(2));1", "[]INT a=(t(1),t(2),t(3),t(4),t(5),t(6),t(7),t(8));1",
-            "STRUCT(INT p,INT q)a=(t(1),t(2));1", "FROM t(1)BY t(2)TO t(3)WHILE FALSE DO 1 OD", "FROM t(1)TO t(2)WHILE FALSE DO 1 OD",
-            "FROM t(1)BY t(2)WHILE FALSE DO 1 OD", "TO t(1)WHILE FALSE DO 1 OD", "LOC[t(1):t(2)]INT a;1", "HEAP[t(1):t(2)]INT", "LOC[t(1):t(2)]INT a:=(t(3);SKIP);1"};
+        String[] sides = {"t(1)+t(2)", "(t(1);HEAP INT):=t(2)", "(t(1);HEAP INT)IS(t(2);HEAP INT)",
+            "(t(1);HEAP INT)ISNT(t(2);HEAP INT)", "(t(1);PROC(INT)INT((INT n)INT:1))(t(2))",
+            "(t(1);PROC(INT,INT,INT,INT,INT,INT,INT,INT)INT(SKIP))(t(2),t(3),t(4),t(5),t(6),t(7),t(8),t(9))",
+            "(t(1);[]INT(1))[t(2)]", "(t(1);[]INT(1))[t(2):t(3)]", "[]INT a=(t(1),t(2));1",
+            "[]INT a=(t(1),t(2),t(3),t(4),t(5),t(6),t(7),t(8));1", "STRUCT(INT p,INT q)a=(t(1),t(2));1",
+            "FROM t(1)BY t(2)TO t(3)WHILE FALSE DO 1 OD", "FROM t(1)TO t(2)WHILE FALSE DO 1 OD",
+            "FROM t(1)BY t(2)WHILE FALSE DO 1 OD", "TO t(1)WHILE FALSE DO 1 OD", "LOC[t(1):t(2)]INT a;1", "HEAP[t(1):t(2)]INT",
+            "LOC[t(1):t(2)]INT a:=(t(3);SKIP);1"};
         int[] parts = {2, 2, 2, 2, 2, 9, 2, 3, 2, 8, 2, 3, 2, 2, 1, 2, 2, 2};
         long[] seeds = {0, 1, 2, 3, 4, 5, 6, 7, -1, -2, 1L << 32, 1L << 63, Long.MAX_VALUE, 987654321987L};
         for (int i = 0; i < sides.length; i++) {

@@ -117,10 +117,11 @@ public final class SyntaxEdgeTest {
 
     /* What has ended opens no more: a second one of the same kind may stand beside. */
     private static void endedOpenings() {
-        String[] beside = {"(1)+|(1)", "-1+|-1", "a[1]|[1]", "f(1)|(1)", "BEGIN 1 END+|BEGIN 1 END", "a:=1;|a:=1", "LOC INT;|LOC INT",
-            "INT:1;INT|:1", "IF TRUE THEN 1 FI;|IF TRUE THEN 1 FI", "DO 1 OD;|DO 1 OD", "p OF a+p |OF a", "LWB a+|LWB a",
-            "a IS b;a |IS b", "REF INT(SKIP);|REF INT(SKIP)", "[]INT(SKIP);|[]INT(SKIP)", "CASE 1 IN 1,2 ESAC;|(1)",
-            "PROC INT(SKIP);|PROC INT(SKIP)", "UNION(INT,BOOL)(SKIP);UNION|(INT,BOOL)(SKIP)", "(INT a)INT:1;|(INT a)INT:1"};
+        String[] beside = {"(1)+|(1)", "-1+|-1", "a[1]|[1]", "f(1)|(1)", "BEGIN 1 END+|BEGIN 1 END", "a:=1;|a:=1",
+            "LOC INT;|LOC INT", "INT:1;INT|:1", "IF TRUE THEN 1 FI;|IF TRUE THEN 1 FI", "DO 1 OD;|DO 1 OD", "p OF a+p |OF a",
+            "LWB a+|LWB a", "a IS b;a |IS b", "REF INT(SKIP);|REF INT(SKIP)", "[]INT(SKIP);|[]INT(SKIP)",
+            "CASE 1 IN 1,2 ESAC;|(1)", "PROC INT(SKIP);|PROC INT(SKIP)", "UNION(INT,BOOL)(SKIP);UNION|(INT,BOOL)(SKIP)",
+            "(INT a)INT:1;|(INT a)INT:1"};
         String open = "(".repeat(OPEN_MOST - 1);
         String close = ")".repeat(OPEN_MOST - 1);
         for (String marked : beside) {

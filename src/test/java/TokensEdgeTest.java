@@ -49,8 +49,8 @@ public final class TokensEdgeTest {
         Check.good("INT  a  =  1  ;  a");
         Check.good("(INT a)INT:a");
         for (int other = 1; other < 256; other++) {
-            boolean token = other == ' ' || "()[],;:+-*/%&!~=<>".indexOf(other) >= 0 || Character.isLetterOrDigit(other) && other < 128;
-            if (!token) {
+            boolean letter = Character.isLetterOrDigit(other) && other < 128;
+            if (!letter && " ()[],;:+-*/%&!~=<>".indexOf(other) < 0) {
                 Check.faulty("1;" + (char) other + "1", 1, 2);
                 Check.faulty("1 " + (char) other, 1, 2);
             }
