@@ -236,7 +236,8 @@ public final class CallsEdgeTest {
         wrong.addAll(List.of(h -> h.one(0, 99, 0, 0), h -> h.one(0, 0, 0, 99), h -> h.one(6, 0, 0, 0), h -> h.one(0, 0, 6, 0)));
         wrong.addAll(List.of(h -> h.meant(0, 99), h -> h.meant(6, 0), h -> h.run(6, 0, 9), h -> h.run(-1, 0, 9)));
         wrong.addAll(List.of(h -> h.run(0, 0, 0), h -> h.run(0, 0, 3001), h -> h.run(0, 0, LEAST), h -> h.run(0, 0, MOST)));
-        wrong.addAll(List.of(h -> h.number(1), h -> h.number(-1), h -> h.kind(1), h -> h.kind(-1), h -> h.ran(5), h -> h.ran(-1)));
+        wrong.addAll(List.of(h -> h.number(1), h -> h.number(-1), h -> h.kind(1), h -> h.kind(-1)));
+        wrong.addAll(List.of(h -> h.ran(5), h -> h.ran(-1)));
         wrong.addAll(List.of(h -> h.orders(6, 9, 9), h -> h.orders(-1, 9, 9), h -> h.orders(0, 0, 9), h -> h.orders(0, 3001, 9)));
         wrong.addAll(List.of(h -> h.orders(0, 9, 0), h -> h.orders(0, 9, 201), h -> h.orders(0, 9, LEAST)));
         wrong.addAll(List.of(h -> h.outcome(2, 0), h -> h.outcome(-1, 0), h -> h.outcome(0, 4), h -> h.outcome(0, -1)));
@@ -332,6 +333,8 @@ public final class CallsEdgeTest {
         for (int i = 0; i < eight.length; i++) {
             Check.due("eight parts " + i, deep.mode(1, 3, eight[i]), kinds[i]);
         }
+        AlgolHouse flat = house("UNION(INT,UNION(BOOL,LONG,UNION(INT,BOOL)),BOOL)u=1;u");
+        walk(flat, 3, 0, 8, 3);
         AlgolHouse none = house("UNION(INT,BOOL)u=1;u;SKIP");
         walk(none, 3, 0, 8, 2);
         walk(none, 3, 1, -1, -1);

@@ -14,6 +14,21 @@ public final class SoundTest {
         "LOC INT n:=2;[]INT a=((n:=n-1;6/n),(n:=n-1;n));PRINT(a[1]);PRINT(a[2])",
     };
 
+    private static final String[] SORTS = {"0 1 2 3 4 5 7 9 63 64 65 300 2147483647", "+ - * / % < <= > >= = /=", "INT LONG BOOL",
+        "LOC HEAP", "a b c d f g i k n p q r s t u x", "IS ISNT", "LWB UPB", "TRUE FALSE", "NIL SKIP", "FROM BY TO"};
+    /* Programs, with blanks between their tokens: what is changed a little often is a program still. */
+    private static final String[] WHOLE = {
+        "MODE A = STRUCT ( INT a , REF A b ) ; LOC A c := ( 1 , NIL ) ; LOC A d := ( 2 , c ) ; a OF b OF d := 2 ; a OF c",
+        "OP P = ( INT a , INT b ) INT : a * ( b + 1 ) ; OP ~ = ( INT a ) INT : - a ; PRINT ( 1 P ~ 2 ) ; PRIO P = 3 ; 1 + 2 P 3",
+        "PROC ( INT , [ ] INT ) INT f = ( INT n , [ ] INT r ) INT : r [ n ] ; PRINT ( f ( 2 , ( 1 , 2 ) ) ) ; f ( 1 , 1 )",
+        "MODE U = UNION ( INT , BOOL ) ; LOC U u := TRUE ; u := 3 ; CASE u WHEN ( INT i ) : PRINT ( i ) , ( BOOL b ) : 2 ESAC",
+        "CASE 1 + 1 IN 1 , SKIP , ( 3 ; 4 ) OUT 5 ESAC ; IF TRUE THEN PRINT ( 1 ) FI ; LOC INT n := 0 ; n := n + 1 ; PRINT ( n )",
+        "FOR i FROM 1 BY 2 TO 9 WHILE i < 7 DO LOC INT k := i ; k := k * k ; PRINT ( k ) OD ; BEGIN INT a = 1 ; PRINT ( a ) END",
+        "LOC [ 1 : 4 ] INT a ; FOR i TO UPB a DO a [ i ] := i * i OD ; [ ] INT b = a [ 2 : 3 ] ; PRINT ( b [ 1 ] ) ; a := b ; a",
+        "LOC REF INT r ; LOC INT x := 4 ; r := x ; PRINT ( r ) ; x IS r ; NIL ISNT r ; REF INT ( r ) := 5 ; LONG l = x ; l",
+        "PROC ( INT ) INT f = ( INT n ) INT : IF n < 2 THEN 1 ELSE n * f ( n - 1 ) FI ; PRINT ( f ( 5 ) ) ; PRINT ( f ( 3 ) )",
+        "STRUCT ( INT p , [ ] INT q ) s = ( 1 , ( 4 , 5 ) ) ; LOC STRUCT ( INT p , [ ] INT q ) t := s ; p OF t := 7 ; q OF t",
+        "LOC INT a := 1 ; LOC INT b := 2 ; PROC INT f = INT : ( a := a + b ; a ) ; PRINT ( f * b + f ) ; ( b := 5 ; b ) - f"};
     private static int calls;
 
     private SoundTest() {
@@ -21,6 +36,7 @@ public final class SoundTest {
 
     public static void main(String[] args) {
         soup();
+        changed();
         runsAreOrders();
         sameAgain();
         Check.end();
@@ -46,12 +62,46 @@ public final class SoundTest {
             String text = soup(random);
             used = calls > 64 ? new AlgolHouse() : used;
             calls = calls > 64 ? 0 : calls;
-            AlgolHouse house = used;
-            String answer = Check.answer(() -> useAll(house, text, random));
-            programs += answer.equals("true") ? 1 : 0;
-            Check.due("all calls of " + text, answer.equals("true") || answer.equals("false"), true);
+            programs += usedWell(used, text, random) ? 1 : 0;
         }
         Check.due("some are programs", programs > 100, true);
+    }
+
+    private static boolean usedWell(AlgolHouse house, String text, Random random) {
+        String answer = Check.answer(() -> useAll(house, text, random));
+        Check.due("all calls of " + text, answer.equals("true") || answer.equals("false"), true);
+        return answer.equals("true");
+    }
+
+    /* Another token, mostly of the same sort. */
+    private static String other(String token, Random random) {
+        if (random.nextInt(8) == 0) {
+            return WORDS[random.nextInt(WORDS.length)];
+        }
+        for (String sort : SORTS) {
+            String[] words = sort.split(" ");
+            if (java.util.List.of(words).contains(token)) {
+                return words[random.nextInt(words.length)];
+            }
+        }
+        return token;
+    }
+
+    /* Programs in which some tokens are exchanged for others; now and then one goes, or comes twice. */
+    private static void changed() {
+        Random random = new Random(1968);
+        int programs = 0;
+        for (int i = 0; i < 12000; i++) {
+            String[] tokens = WHOLE[i % WHOLE.length].split(" ");
+            for (int changes = 1 + random.nextInt(4); changes > 0; changes--) {
+                int at = random.nextInt(tokens.length);
+                String what = tokens[at];
+                int way = random.nextInt(12);
+                tokens[at] = way == 0 ? "" : way == 1 ? what + " " + what : other(what, random);
+            }
+            programs += usedWell(new AlgolHouse(), String.join(" ", tokens), random) ? 1 : 0;
+        }
+        Check.due("many are programs", programs > 1000, true);
     }
 
     private static boolean useAll(AlgolHouse house, String text, Random random) {

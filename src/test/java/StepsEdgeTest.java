@@ -260,6 +260,8 @@ public final class StepsEdgeTest {
                 + "PRINT(s OF q OF b);PRINT(s OF q OF a);PRINT(p OF b)", "I2 I9 I3");
         Check.prints("LOC INT a:=1;LOC INT b:=a;a:=2;PRINT(b);PRINT(a);REF INT c=a:=3;PRINT(c IS a);PRINT(a)", "I1 I2 B1 I3");
         Check.prints("LOC INT a;LOC INT b;a:=b:=4;PRINT(a);PRINT(b)", "I4 I4");
+        Check.prints("[]INT a=5;PRINT(LWB a);PRINT(UPB a);[]INT b=(5,6);PRINT(LWB b);PRINT(UPB b);PRINT(b[1]);PRINT(b[2])",
+                "I1 I1 I1 I2 I5 I6");
         Check.prints("LOC INT a:=1;PROC VOID f=VOID:a:=a+1;f;f;PRINT(a)", "I3");
         Check.prints("LOC[1:2][]INT a:=((1,2),3);PRINT(UPB a[1]);PRINT(UPB a[2]);a[2]:=(4,5,6);PRINT(a[2][3])", "I2 I1 I6");
         Check.prints("FOR i TO 2 DO LOC INT a;IF i=1 THEN a:=5;PRINT(a)ELSE LOC INT b:=a;PRINT(1)FI OD", "I5 I1");

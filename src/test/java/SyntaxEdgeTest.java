@@ -30,6 +30,7 @@ public final class SyntaxEdgeTest {
         parametersOfOperations();
         tooEarly();
         beginsWithDeclarer();
+        secondaries();
         lists();
         Check.end();
     }
@@ -284,6 +285,31 @@ public final class SyntaxEdgeTest {
         Check.good("LOC[INT:1:INT:2]INT;1");
         Check.good("[]INT a=1;a[INT:1]");
         Check.faultyAt(5, "[]INT a=1;a[INT:|TRUE]");
+    }
+
+    private static void secondaries() {
+        Check.good("STRUCT(INT p)s=SKIP;p OF s;p OF HEAP STRUCT(INT p);p OF p OF HEAP STRUCT(STRUCT(INT p)p)");
+        Check.good("LOC[1:2]STRUCT(INT p)s;p OF s[1];-HEAP INT;-p OF s[1];UPB HEAP[1:2]INT+LWB HEAP[1:2]INT");
+        Check.syntaxAt("LOC INT|(1)");
+        Check.syntaxAt("LOC INT|[1]");
+        Check.syntaxAt("HEAP INT |OF a");
+        Check.syntaxAt("a(1)|OF b");
+        Check.syntaxAt("(a)|OF b");
+        Check.syntaxAt("1 |OF b");
+        Check.syntaxAt("p OF |-a");
+        Check.syntaxAt("p OF |NIL");
+        Check.syntaxAt("-|NIL");
+        Check.syntaxAt("-|SKIP");
+        Check.syntaxAt("1+|SKIP");
+        Check.syntaxAt("a IS |SKIP");
+        Check.syntaxAt("SKIP |IS a");
+        Check.syntaxAt("SKIP|:=1");
+        Check.syntaxAt("a IS b |IS c");
+        Check.syntaxAt("a IS b|:=c");
+        Check.syntaxAt("NIL|+1");
+        Check.syntaxAt("NIL|[1]");
+        Check.syntaxAt("a:=b |c");
+        Check.good("LOC INT a;LOC BOOL b;b:=a IS NIL;a:=SKIP;NIL IS a");
     }
 
     private static void lists() {
