@@ -163,14 +163,23 @@ public final class StepsEdgeTest {
         within("PROC INT f=INT:f;f", 83, "6 15 83 0 40");
         String sizes = "[]INT a=(1,2,3,4,5,6,7,8);[][]INT b=(a,a,a,a,a,a,a,a);[][][]INT c=(b,b,b,b,[]INT((1,2,3)));"
                 + "MODE U=UNION([][][]INT,INT);";
-        String struct = sizes + "LOC STRUCT(U p,INT q)s;p OF s:=c;STRUCT(U p,INT q)t=s;1";
-        int place = struct.length() - 3;
-        String[] words = Check.run(struct, 0, 3000).split(" ");
-        Check.due("a SIZE of 301", words[0] + " " + words[1], "6 " + place);
-        within(struct, Integer.parseInt(words[2]), String.join(" ", words[0], words[1], words[2], words[3], words[4]));
-        within(struct, Integer.parseInt(words[2]) - 1, "7 " + place + " " + (Integer.parseInt(words[2]) - 1) + " 3 2");
-        String row = sizes + "LOC[1:1]U s;s[1]:=c;LOC[1:1]U r;1";
-        Check.due("a row", Check.outline(row), "0 -1 :");
+        String struct = sizes + "LOC STRUCT(U p,INT q)s;p OF s:=c;STRUCT(U p,INT q)t=|s;1";
+        String row = sizes + "LOC[1:2]U s;s[1]:=c;s[2]:=1;[]U t=s|[1:2];1";
+        tooLarge(struct, 3);
+        tooLarge(row, 3);
+    }
+
+    /* A SIZE above 300 is told where there is no step left for the copy, and not before. */
+    private static void tooLarge(String marked, int places) {
+        String text = Check.plain(marked);
+        int place = Check.mark(marked);
+        String[] words = Check.run(text, 0, 3000).split(" ");
+        Check.due("a SIZE above 300 of " + text, words[0] + " " + words[1], "6 " + place);
+        int steps = Integer.parseInt(words[2]);
+        within(text, steps, "6 " + place + " " + steps + " " + places + " 2");
+        String less = Check.run(text, 0, steps - 1);
+        Check.due("one step less of " + text, less.startsWith("7 ") && less.contains(" " + (steps - 1) + " " + places + " 2 :"),
+                true);
     }
 
     /* With just as many steps as it takes it ends; with less it fails by 7 behind no more than those. */
@@ -275,6 +284,10 @@ public final class StepsEdgeTest {
         Check.prints(modes + "V v=LONG 4;PRINT(CASE v WHEN(U u):2 OUT 5 ESAC);V w=[]INT(1);"
                 + "PRINT(CASE w WHEN(U u):2,([]INT r):UPB r ESAC)", "I5 I1");
         Check.prints(modes + "U u=3;V v=u;CASE v WHEN(U w):CASE w WHEN(INT i):PRINT(i)ESAC ESAC", "I3");
+        Check.prints(modes + "U s=1;U t=2;V v=U(TRUE);CASE v WHEN(U w):CASE w WHEN(INT i):PRINT(i),(BOOL b):PRINT(b)ESAC ESAC",
+                "B1");
+        Check.prints(modes + "U t=TRUE;V v=77;CASE v WHEN(U w):(V x=w;CASE x WHEN(BOOL b):PRINT(b),(INT i):PRINT(i)ESAC)ESAC",
+                "I77");
         Check.prints(modes + "LOC V v:=1;v:=TRUE;v:=U(8);CASE v WHEN(INT i):PRINT(i),(BOOL b):PRINT(b)ESAC", "I8");
         Check.prints(modes + "V v=1;CASE v WHEN(V w):CASE w WHEN(INT i):PRINT(i)ESAC ESAC", "I1");
         Check.prints(modes + "V v=LONG 1;U u=2;"
