@@ -2386,29 +2386,18 @@ public final class AlgolHouse {
                     strong(p.kidAt(k, i + 1), modes.partAt(proc, i));
                 }
             } else if (p.kind[k] == IDENTICAL) {
-                int one = isNothing(k + 1) ? p.kidAt(k, 1) : k + 1;
-                int other = one == k + 1 ? p.kidAt(k, 1) : k + 1;
-                bringOn(one, W_REF);
-                strong(other, p.came(one));
+                compare(k + 1, p.kidAt(k, 1));
             } else if (p.kind[k] == DYADIC || p.kind[k] == MONADIC) {
                 findOperation(k);
             }
         }
 
-        /* Whether it is NIL or SKIP, or all of its ENDS are. */
-        private boolean isNothing(int k) {
-            if (p.mode[k] >= 0) {
-                return false;
-            }
-            spread(k, M_VOID);
-            for (int j = k; j < p.end[k]; j++) {
-                if (want[j] >= 0 && p.isClause(j)) {
-                    spreadEnds(j);
-                } else if (want[j] >= 0 && p.kind[j] == DISPLAY) {
-                    return false;
-                }
-            }
-            return true;
+        /* A clause is neither NIL nor SKIP, whatever its ENDS are; the grammar lets no SKIP stand at IS by itself. */
+        private void compare(int left, int right) {
+            boolean isNil = p.kind[left] == NIL;
+            int one = isNil ? right : left;
+            bringOn(one, W_REF);
+            strong(isNil ? left : right, p.came(one));
         }
 
         private void spread(int k, int m) {

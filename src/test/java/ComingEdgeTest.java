@@ -1,5 +1,6 @@
 /** Term 4, sentence by sentence: PLACES of nodes, RANGES, and what comes where, just so or just not. */
 public final class ComingEdgeTest {
+    private static final int SERIAL = 1;
     private static final int TAG = 18;
 
     private ComingEdgeTest() {
@@ -15,6 +16,7 @@ public final class ComingEdgeTest {
         weak();
         soft();
         identical();
+        identicalClauses();
         nothingStrong();
         nothingElse();
         ends();
@@ -399,9 +401,6 @@ public final class ComingEdgeTest {
         steps(TAG, "REF INT a=NIL;PROC REF INT b=SKIP;|b IS a", "1");
         steps(TAG, "REF INT a=NIL;PROC REF INT b=SKIP;a IS |b", "1");
         steps(TAG, "PROC REF INT b=SKIP;NIL IS |b", "1");
-        steps(TAG, "PROC REF INT b=SKIP;(SKIP)IS |b", "1");
-        steps(TAG, "PROC REF INT b=SKIP;(NIL)IS |b", "1");
-        steps(TAG, "PROC REF INT b=SKIP;IF TRUE THEN NIL ELSE SKIP FI IS |b", "1");
         steps(TAG, "REF PROC REF INT b=SKIP;NIL IS |b", "");
         steps(TAG, "REF INT a=NIL;REF PROC REF INT b=SKIP;a IS |b", "21");
         Check.faultyAt(5, "REF INT a=NIL;REF BOOL b=NIL;a IS |b");
@@ -409,19 +408,37 @@ public final class ComingEdgeTest {
         Check.faultyAt(5, "REF INT a=NIL;|1 IS a");
         Check.faultyAt(5, "NIL IS |NIL");
         Check.faultyAt(5, "NIL IS |1");
-        Check.faultyAt(5, "(SKIP)IS(|NIL)");
         Check.faultyAt(5, "REF INT a=NIL;|(1,2)IS a");
         Check.faultyAt(5, "REF INT a=NIL;a IS |(1,2)");
         Check.faultyAt(5, "|(1,2)IS 1");
-        Check.faultyAt(5, "|IF TRUE THEN NIL ELSE(1,2)FI IS 1");
-        steps(TAG, "PROC REF INT b=SKIP;([]INT r=(1,2);NIL)IS |b", "1");
-        steps(TAG, "PROC REF INT b=SKIP;IF[]INT r=(1,2);TRUE THEN SKIP FI IS |b", "1");
         Check.faultyAt(3, "1 IS |x");
         Check.faultyAt(3, "|x IS 1");
         Check.faultyAt(5, "REF INT a=NIL;REF INT b=IF TRUE THEN a ELSE |1 FI;1");
         Check.faultyAt(5, "REF INT a=NIL;IF TRUE THEN a ELSE |1 FI IS a");
         Check.good("REF INT a=NIL;IF TRUE THEN NIL ELSE a FI IS a;a IS IF TRUE THEN NIL ELSE a FI");
-        Check.prints("REF INT a=NIL;PRINT(NIL IS a);PRINT((NIL)IS a);PRINT(a ISNT NIL)", "B1 B1 B0");
+        Check.prints("REF INT a=NIL;PRINT(NIL IS a);PRINT(a IS(NIL));PRINT(a ISNT NIL)", "B1 B1 B0");
+    }
+
+    /* A clause isn't NIL or SKIP itself: it is the first, and without a mode (from its ENDS) it is 5 at it. */
+    private static void identicalClauses() {
+        for (String second : new String[]{"a", "b", "1", "NIL", "(NIL)", "(SKIP)", "(1,2)"}) {
+            for (String first : new String[]{"(|SKIP)", "(|NIL)", "BEGIN |NIL END", "(|(NIL))", "(|1;NIL)",
+                "(|[]INT r=(1,2);NIL)", "|IF TRUE THEN NIL FI", "|IF TRUE THEN NIL ELSE SKIP FI", "|IF TRUE THEN NIL ELSE(1,2)FI",
+                "|CASE 1 IN NIL,SKIP OUT NIL ESAC", "|CASE UNION(INT,BOOL)(1)WHEN(INT i):NIL OUT SKIP ESAC"}) {
+                Check.faultyAt(5, "REF INT a=NIL;PROC REF INT b=SKIP;" + first + " IS " + second);
+                Check.faultyAt(5, "REF INT a=NIL;PROC REF INT b=SKIP;" + first + " ISNT " + second);
+            }
+        }
+        Check.faultyAt(3, "(NIL)IS |x");
+        Check.faultyAt(5, "NIL IS(|NIL)");
+        Check.faultyAt(5, "NIL IS |IF TRUE THEN SKIP FI");
+        Check.syntaxAt("REF INT a=NIL;SKIP |IS a");
+        Check.syntaxAt("REF INT a=NIL;a IS |SKIP");
+        Check.good("REF INT a=NIL;a IS(SKIP);a IS(NIL);a IS IF TRUE THEN NIL ELSE SKIP FI;(a)IS(NIL)");
+        steps(SERIAL, "PROC REF INT b=SKIP;NIL IS(|b)", "1");
+        steps(SERIAL, "PROC REF INT b=SKIP;(|b)IS NIL", "1");
+        steps(TAG, "PROC REF INT b=SKIP;REF INT a=NIL;IF TRUE THEN NIL ELSE a FI IS |b", "1");
+        steps(TAG, "PROC REF INT b=SKIP;REF INT a=NIL;IF TRUE THEN a ELSE |b FI IS NIL", "1");
     }
 
     /* A form in a place that is STRONG to a mode: the mark is where it can't come, none if it can. */

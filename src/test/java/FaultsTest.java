@@ -133,7 +133,9 @@ public final class FaultsTest {
         Check.faulty("LOC PROC REF INT b;1;b:=LOC INT", 5, 24);
         Check.faulty("1 IS NIL", 5, 0);
         Check.faulty("NIL IS NIL", 5, 7);
-        Check.good("LOC INT a;NIL IS a;(SKIP)IS a;a IS(NIL)");
+        Check.good("LOC INT a;NIL IS a;a IS(SKIP);a IS(NIL)");
+        Check.faulty("LOC INT a;(SKIP)IS a", 5, 11);
+        Check.faulty("LOC INT a;(NIL)ISNT a", 5, 11);
         Check.faulty("LOC INT a;a IS 1", 5, 15);
         Check.faulty("LOC INT a;LOC BOOL b;a IS b", 5, 26);
         Check.good("LOC INT a;LOC REF INT b;a IS b;1");

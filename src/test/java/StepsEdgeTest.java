@@ -11,6 +11,7 @@ public final class StepsEdgeTest {
         stepsOfCopies();
         lastSteps();
         failuresAheadOfSteps();
+        sizesBehindSteps();
         everyLimit();
         loops();
         clauses();
@@ -167,6 +168,27 @@ public final class StepsEdgeTest {
         String row = sizes + "LOC[1:2]U s;s[1]:=c;s[2]:=1;[]U t=s|[1:2];1";
         tooLarge(struct, 3);
         tooLarge(row, 3);
+    }
+
+    /* Where a STEP other than FOLLOW fails by its SIZE it has been taken; without a step for it there is 7. */
+    private static void sizesBehindSteps() {
+        String sizes = "[]INT a=(1,2,3,4,5,6,7,8);[][]INT b=(a,a,a,a,a,a,a,a);[][][]INT c=(b,b,b,b,[]INT((1,2,3)));";
+        lastOfThese(sizes + "[][][][][]INT d=c;1", sizes + "[][][][][][]INT d=|c;1", 2, 1);
+        String three = sizes + "[][][][][]INT d=c;";
+        lastOfThese(three + "1", three + "UNION(INT,[][][][][]INT)e=|d;1", 2, 3);
+        lastOfThese(three + "1", three + "[][][][][][]INT e=|d;1", 2, 3);
+    }
+
+    /* The first text ends well; the second one fails at its mark, so many steps less and so many more behind. */
+    private static void lastOfThese(String text, String marked, int less, int more) {
+        String failing = Check.plain(marked);
+        String place = " " + Check.mark(marked) + " ";
+        String[] words = Check.run(text, 0, 3000).split(" ");
+        int steps = Integer.parseInt(words[2]) - less + more;
+        Check.due("failure of " + text, words[0], "0");
+        within(failing, 3000, "6" + place + steps + " 0 2");
+        within(failing, steps, "6" + place + steps + " 0 2");
+        within(failing, steps - 1, "7" + place + (steps - 1) + " 0 2");
     }
 
     /* A SIZE above 300 is told where there is no step left for the copy, and not before. */
