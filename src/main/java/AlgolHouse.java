@@ -2386,18 +2386,14 @@ public final class AlgolHouse {
                     strong(p.kidAt(k, i + 1), modes.partAt(proc, i));
                 }
             } else if (p.kind[k] == IDENTICAL) {
-                compare(k + 1, p.kidAt(k, 1));
+                /* A clause isn't NIL itself, whatever its ENDS are; a SKIP can't stand there by the grammar. */
+                boolean isNil = p.kind[k + 1] == NIL;
+                int one = isNil ? p.kidAt(k, 1) : k + 1;
+                bringOn(one, W_REF);
+                strong(isNil ? k + 1 : p.kidAt(k, 1), p.came(one));
             } else if (p.kind[k] == DYADIC || p.kind[k] == MONADIC) {
                 findOperation(k);
             }
-        }
-
-        /* A clause is neither NIL nor SKIP, whatever its ENDS are; the grammar lets no SKIP stand at IS by itself. */
-        private void compare(int left, int right) {
-            boolean isNil = p.kind[left] == NIL;
-            int one = isNil ? right : left;
-            bringOn(one, W_REF);
-            strong(isNil ? left : right, p.came(one));
         }
 
         private void spread(int k, int m) {
